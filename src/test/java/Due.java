@@ -1,0 +1,99 @@
+import java.util.NoSuchElementException;
+import java.util.function.IntSupplier;
+
+/** Counts answers that are not as due, and feeds texts. */
+final class Due {
+    static final int NO_SUCH = Integer.MIN_VALUE + 77;
+    private final String name;
+    private int calls;
+    private int wrong;
+
+    Due(String name) {
+        this.name = name;
+    }
+
+    void is(String call, long got, long due) {
+        calls++;
+        if (got != due) {
+            wrong++;
+            if (wrong <= 40) {
+                System.out.println(name + ": " + call + " answered " + got + ", due is " + due);
+            }
+        }
+    }
+
+    void is(String call, boolean got, boolean due) {
+        is(call, got ? 1 : 0, due ? 1 : 0);
+    }
+
+    void throwsNoSuch(String call, IntSupplier asked) {
+        is(call + " (NoSuchElementException)", answer(asked), NO_SUCH);
+    }
+
+    /** The answer, or NO_SUCH for the one exception that the document names; any other one ends the test. */
+    static long answer(IntSupplier asked) {
+        try {
+            return asked.getAsInt();
+        } catch (NoSuchElementException e) {
+            return NO_SUCH;
+        }
+    }
+
+    boolean isWrong() {
+        return wrong > 0;
+    }
+
+    void finish() {
+        System.out.println(name + ": " + calls + " answers, " + wrong + " wrong");
+        if (wrong > 0) {
+            System.exit(1);
+        }
+    }
+
+    static int number(byte[] bytes, int from) {
+        int n = 0;
+        for (int i = from; i < from + 4; i++) {
+            n = n << 8 | (i < bytes.length ? bytes[i] & 255 : 0);
+        }
+        return n;
+    }
+
+    /** The tape is this text then. */
+    static void tape(AgreedInput x, String text) {
+        byte[] bytes = text.getBytes(java.nio.charset.StandardCharsets.ISO_8859_1);
+        x.end(0);
+        for (int i = 0; i < bytes.length; i += 20) {
+            x.feed(number(bytes, i), number(bytes, i + 4), number(bytes, i + 8), number(bytes, i + 12), number(bytes, i + 16));
+        }
+        x.end(bytes.length);
+    }
+
+    static int world(AgreedInput x, String text) {
+        tape(x, text);
+        return x.world();
+    }
+
+    static int submit(AgreedInput x, int s, String text) {
+        tape(x, text);
+        return x.submit(s);
+    }
+
+    static int book(AgreedInput x, int lives, String text) {
+        tape(x, text);
+        return x.book(lives);
+    }
+
+    static int sentence(AgreedInput x, String text) {
+        tape(x, text);
+        return x.sentence();
+    }
+
+    static int so(AgreedInput x, int... pairs) {
+        StringBuilder text = new StringBuilder();
+        for (int b : pairs) {
+            text.append((char) b);
+        }
+        tape(x, text.toString());
+        return x.so();
+    }
+}

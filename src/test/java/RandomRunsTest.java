@@ -14,10 +14,16 @@ public final class RandomRunsTest {
     private final String run;
     private final AgreedInput x = new AgreedInput();
     private final Model m = new Model();
+    /** 0 some of all, 1 many TICKS, 2 much that is PUT, and 'at' often, so that the ORDER comes to be full. */
+    private final int sort;
     private int calls;
+    private static int mostTicks;
+    private static int mostOrdered;
+    private static int mostTries;
 
     private RandomRunsTest(int seed, Due due) {
         draws = new Random(seed);
+        sort = seed % 3;
         run = "run " + seed;
         this.due = due;
     }
@@ -161,7 +167,7 @@ public final class RandomRunsTest {
     }
 
     private String ref() {
-        return oneIn(5) ? "at " + key() : key();
+        return oneIn(sort == 2 ? 2 : 5) ? "at " + key() : key();
     }
 
     private String term() {
@@ -286,7 +292,13 @@ public final class RandomRunsTest {
     private void act() {
         int sites = m.db.world.sites.size();
         int s = near(sites);
-        switch (draw(20)) {
+        int act = draw(20);
+        if (sort == 2 && oneIn(3)) {
+            act = 4;
+        } else if (act == 11 && oneIn(2)) {
+            act = 19;
+        }
+        switch (act) {
             case 0: case 1: case 2: case 3:
                 String trans = transText();
                 tape(trans);
@@ -347,7 +359,7 @@ public final class RandomRunsTest {
                 soByTape();
                 break;
             default:
-                int t = oneIn(40) ? odd() : oneIn(60) ? 60 : 1 + draw(oneIn(5) ? 20 : 3);
+                int t = oneIn(40) ? odd() : sort == 1 ? 1 + draw(60) : 1 + draw(oneIn(5) ? 20 : 3);
                 compare("ticks(" + t + ")", () -> x.ticks(t), () -> m.ticks(t));
                 break;
         }
@@ -430,7 +442,7 @@ public final class RandomRunsTest {
     private void go() {
         tellWorld();
         while (calls < CALLS - 130 && !due.isWrong()) {
-            if (oneIn(60)) {
+            if (oneIn(m.db.world.keys.isEmpty() ? 10 : sort == 0 ? 60 : 300)) {
                 tellWorld();
             } else if (oneIn(2)) {
                 act();
@@ -439,6 +451,11 @@ public final class RandomRunsTest {
             }
         }
         lookAtAll();
+        mostTicks = Math.max(mostTicks, m.db.tick);
+        mostOrdered = Math.max(mostOrdered, m.db.order.size());
+        for (int n = 0; n < m.db.transes.size(); n++) {
+            mostTries = Math.max(mostTries, m.db.entriesOf(n));
+        }
     }
 
     public static void main(String[] args) {
@@ -448,6 +465,10 @@ public final class RandomRunsTest {
         for (int seed = from; seed < from + runs && !due.isWrong(); seed++) {
             new RandomRunsTest(seed, due).go();
         }
+        // runs that never come there would show nothing of these edges
+        due.is("TICK 1000 was reached", runs < 1000 || mostTicks == 1000, true);
+        due.is("the ORDER was full", runs < 1000 || mostOrdered == 40, true);
+        due.is("a TRANS was asked anew", runs < 1000 || mostTries > 2, true);
         due.finish();
     }
 }

@@ -163,7 +163,9 @@ public final class AgreedInput {
         int number = Math.min(n, state.ticksLeft());
         if (number > 0) {
             keepState();
-            state.passTicks(number);
+            for (int i = 0; i < number; i++) {
+                state.passTick();
+            }
         }
         return number;
     }
@@ -687,6 +689,7 @@ public final class AgreedInput {
         static final int MOST_KEYS = 10;
         static final int MOST_COPIES = 3;
         /** All NAMES stand in one row: SITES, KEYS, COPIES. */
+        static final int FIRST_SITE = 0;
         static final int FIRST_KEY = MOST_SITES;
         static final int FIRST_COPY = FIRST_KEY + MOST_KEYS;
         static final int NAMES = FIRST_COPY + MOST_COPIES;
@@ -779,7 +782,7 @@ public final class AgreedInput {
                 return reader.fail(4);
             }
             reader.step();
-            if (!takeNewName(reader, sites)) {
+            if (!takeNewName(reader, FIRST_SITE + sites)) {
                 return false;
             }
             sites++;
@@ -794,7 +797,7 @@ public final class AgreedInput {
             if (!takeNewName(reader, FIRST_KEY + keys)) {
                 return false;
             }
-            int site = takeSite(reader);
+            int site = takeNamed(reader, FIRST_SITE, sites);
             int first = site < 0 ? NONE : reader.takeNumber(0, 999);
             if (first < 0) {
                 return false;
@@ -867,7 +870,8 @@ public final class AgreedInput {
             return NONE;
         }
 
-        private int takeNamed(Reader reader, int first, int number) {
+        /** The number of what is named, of a sort whose NAMES begin at a place; NONE with a FAULT. */
+        int takeNamed(Reader reader, int first, int number) {
             if (reader.kind() != Reader.NAME) {
                 reader.fail(1);
                 return NONE;
@@ -879,18 +883,6 @@ public final class AgreedInput {
             }
             reader.step();
             return found;
-        }
-
-        int takeSite(Reader reader) {
-            return takeNamed(reader, 0, sites);
-        }
-
-        int takeKey(Reader reader) {
-            return takeNamed(reader, FIRST_KEY, keys);
-        }
-
-        int takeCopy(Reader reader) {
-            return takeNamed(reader, FIRST_COPY, copies);
         }
 
         boolean isKeyNext(Reader reader) {
@@ -1045,7 +1037,7 @@ public final class AgreedInput {
 
         private int readRef(Reader reader, World world) {
             if (reader.kind() != Reader.AT) {
-                int key = world.takeKey(reader);
+                int key = world.takeNamed(reader, World.FIRST_KEY, world.keys);
                 return key < 0 ? NONE : KEY_TERM + key;
             }
             int j = ats[count];
@@ -1054,7 +1046,7 @@ public final class AgreedInput {
                 return NONE;
             }
             reader.step();
-            int key = world.takeKey(reader);
+            int key = world.takeNamed(reader, World.FIRST_KEY, world.keys);
             if (key < 0) {
                 return NONE;
             }
@@ -1072,28 +1064,26 @@ public final class AgreedInput {
             return reader.fail(kind == Reader.NAME ? 3 : 1);
         }
 
-        /** The KEY of a TERM that is none of a NUMBER; what was FORESEEN for its TRANS begins at a place. */
+        /** The KEY of a TERM, NONE of a NUMBER; what is FORESEEN for its ENTRY begins at a place. */
         private static int keyOf(int term, int[] foreseen, int first) {
-            int ref = term < 0 ? -1 - term : term;
-            if (ref < AT_TERM) {
-                return ref - KEY_TERM;
+            int plain = term < 0 ? -1 - term : term;
+            if (plain < KEY_TERM) {
+                return NONE;
             }
-            int i = first + ref - AT_TERM;
+            if (plain < AT_TERM) {
+                return plain - KEY_TERM;
+            }
+            int i = first + plain - AT_TERM;
             return i >= 0 && i < foreseen.length ? foreseen[i] : NONE;
-        }
-
-        /** The KEY of a TERM as a bit, none for a NUMBER. */
-        private static int bitOf(int term, int[] foreseen, int first) {
-            int key = keyOf(term, foreseen, first);
-            return key >= 0 && key < World.MOST_KEYS ? 1 << key : 0;
         }
 
         int writesOf(int n, int[] foreseen, int first) {
             int mask = 0;
             for (int s = 0; s < steps[n]; s++) {
                 int from = (n * MOST_STEPS + s) * STEP_SIZE;
-                if (code[from] == GIVES) {
-                    mask |= bitOf(code[from + 1], foreseen, first);
+                int key = keyOf(code[from + 1], foreseen, first);
+                if (code[from] == GIVES && key >= 0) {
+                    mask |= 1 << key;
                 }
             }
             return mask;
@@ -1107,11 +1097,15 @@ public final class AgreedInput {
             }
             for (int s = 0; s < steps[n]; s++) {
                 int from = (n * MOST_STEPS + s) * STEP_SIZE;
-                if (code[from] != GIVES) {
-                    mask |= bitOf(code[from + 1], foreseen, first);
+                int key = keyOf(code[from + 1], foreseen, first);
+                if (code[from] != GIVES && key >= 0) {
+                    mask |= 1 << key;
                 }
                 for (int i = 0; i < code[from + 2]; i++) {
-                    mask |= bitOf(code[from + 3 + i], foreseen, first);
+                    key = keyOf(code[from + 3 + i], foreseen, first);
+                    if (key >= 0) {
+                        mask |= 1 << key;
+                    }
                 }
             }
             return mask;
@@ -1122,19 +1116,12 @@ public final class AgreedInput {
             return keys > 0 ? Math.floorMod(values[atKey[n * MOST_ATS + j]], keys) : 0;
         }
 
-        private boolean isAsForeseen(int n, int[] foreseen, int first, int[] values, int keys) {
-            for (int j = 0; j < ats[n]; j++) {
-                if (keyAt(n, j, values, keys) != foreseen[first + j]) {
-                    return false;
-                }
-            }
-            return true;
-        }
-
         /** How a TRANS goes; if it is DONE, gave has VALUES behind it. */
         int run(int n, int[] foreseen, int first, int[] values, int[] gave, int keys) {
-            if (!isAsForeseen(n, foreseen, first, values, keys)) {
-                return State.RETRIED;
+            for (int j = 0; j < ats[n]; j++) {
+                if (keyAt(n, j, values, keys) != foreseen[first + j]) {
+                    return State.RETRIED;
+                }
             }
             for (int k = 0; k < keys; k++) {
                 gave[k] = values[k];
@@ -1148,13 +1135,17 @@ public final class AgreedInput {
         }
 
         private boolean runStep(int from, int[] foreseen, int first, int[] gave) {
+            int sum = 0;
+            for (int i = 0; i < code[from + 2]; i++) {
+                int term = code[from + 3 + i];
+                int plain = term < 0 ? -1 - term : term;
+                int key = keyOf(plain, foreseen, first);
+                int number = key >= 0 && key < gave.length ? gave[key] : plain;
+                sum += term < 0 ? -number : number;
+            }
             int key = keyOf(code[from + 1], foreseen, first);
             if (key < 0 || key >= gave.length) {
                 return false;
-            }
-            int sum = 0;
-            for (int i = 0; i < code[from + 2]; i++) {
-                sum += termOf(code[from + 3 + i], foreseen, first, gave);
             }
             switch (code[from]) {
                 case '<': return gave[key] < sum;
@@ -1164,16 +1155,6 @@ public final class AgreedInput {
                     gave[key] = sum;
                     return true;
             }
-        }
-
-        private static int termOf(int term, int[] foreseen, int first, int[] gave) {
-            int plain = term < 0 ? -1 - term : term;
-            int number = plain;
-            if (plain >= KEY_TERM) {
-                int key = keyOf(plain, foreseen, first);
-                number = key >= 0 && key < gave.length ? gave[key] : 0;
-            }
-            return term < 0 ? -number : number;
         }
     }
 
@@ -1547,12 +1528,6 @@ public final class AgreedInput {
             return Math.max(0, LAST_TICK - tick);
         }
 
-        void passTicks(int number) {
-            for (int i = 0; i < number; i++) {
-                passTick();
-            }
-        }
-
         void passTick() {
             for (int c = 0; c < world.copies; c++) {
                 passGoing(c);
@@ -1584,18 +1559,14 @@ public final class AgreedInput {
             for (int i = 0; i < entries.ordered && free > 0; i++) {
                 int place = world.takesLast[c] ? entries.ordered - 1 - i : i;
                 if (((places >>> place) & 1) == 1) {
-                    takeEntry(c, place);
                     free--;
+                    if (world.link > 0 && entries.isWide[entries.order[place]]) {
+                        copies[c].how[place] = GOING;
+                        copies[c].left[place] = world.link;
+                    } else {
+                        execute(c, place);
+                    }
                 }
-            }
-        }
-
-        private void takeEntry(int c, int i) {
-            if (entries.isWide[entries.order[i]] && world.link > 0) {
-                copies[c].how[i] = GOING;
-                copies[c].left[i] = world.link;
-            } else {
-                execute(c, i);
             }
         }
 
@@ -1706,7 +1677,9 @@ public final class AgreedInput {
                     if (a > ticksLeft()) {
                         return 31;
                     }
-                    passTicks(a);
+                    for (int i = 0; i < a; i++) {
+                        passTick();
+                    }
                     return 0;
             }
         }
@@ -1832,10 +1805,10 @@ public final class AgreedInput {
             int first = 0;
             int second = 0;
             if (kind == Reader.PUT) {
-                first = world.takeSite(reader);
+                first = world.takeNamed(reader, World.FIRST_SITE, world.sites);
                 second = first < 0 ? NONE : reader.takeNumber(0, Scripts.MOST - 1);
             } else if (kind == Reader.CRASH) {
-                first = world.takeCopy(reader);
+                first = world.takeNamed(reader, World.FIRST_COPY, world.copies);
             } else if (kind == Reader.TICK) {
                 first = reader.takeNumber(1, State.MOST_AT_ONCE);
             }
@@ -1940,9 +1913,9 @@ public final class AgreedInput {
                     return readOne(reader, world, depth + 1) && add(Reader.NOT, 0, 0);
                 case Reader.READS:
                 case Reader.WRITES:
-                    return add(kind, 0, world.takeKey(reader));
+                    return add(kind, 0, world.takeNamed(reader, World.FIRST_KEY, world.keys));
                 case Reader.FROM:
-                    return add(kind, 0, world.takeSite(reader));
+                    return add(kind, 0, world.takeNamed(reader, World.FIRST_SITE, world.sites));
                 case Reader.PLACE:
                 case Reader.TRIES:
                 case Reader.TRANS:

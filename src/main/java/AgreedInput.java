@@ -1307,18 +1307,11 @@ public final class AgreedInput {
         }
 
         void start(World world) {
-            giveUp();
+            isOn = false;
             donePoint = 0;
             for (int k = 0; k < world.keys; k++) {
                 doneValues[k] = world.keyFirst[k];
             }
-        }
-
-        void giveUp() {
-            isOn = false;
-            point = 0;
-            taken = 0;
-            twins = 0;
         }
 
         void begin(int ordered) {
@@ -1355,7 +1348,7 @@ public final class AgreedInput {
             for (int i = 0; i < donePoint; i++) {
                 doneHow[i] = first.how[i];
             }
-            giveUp();
+            isOn = false;
         }
     }
 
@@ -1463,9 +1456,8 @@ public final class AgreedInput {
             int i = entries.ordered;
             entries.order[i] = e;
             entries.place[e] = i;
-            for (int c = 0; c < World.MOST_COPIES; c++) {
+            for (int c = 0; c < world.copies; c++) {
                 copies[c].how[i] = WAITING;
-                copies[c].left[i] = 0;
             }
             entries.ordered++;
         }
@@ -1644,10 +1636,9 @@ public final class AgreedInput {
             }
             for (int i = 0; i < entries.ordered; i++) {
                 copy.how[i] = i < check.donePoint ? check.doneHow[i] : WAITING;
-                copy.left[i] = 0;
             }
             if (c == 0) {
-                check.giveUp();
+                check.isOn = false;
             }
         }
 

@@ -327,6 +327,9 @@ public final class PromisesTest {
         due.is("now(0)", x.now(0), 1000);
         due.is("ticks(1)", x.ticks(1), 0);
         due.is("drawn(1, 1)", x.drawn(1, 1), 0);
+        due.is("none went by, so none is undone", x.undo(), 7);
+        due.is("now(0)", x.now(0), 961);
+        x.ticks(60);
         due.is("submit() still", Due.submit(x, 0, "a = 1;"), 0);
         due.is("over() all the same", x.over(), 3);
     }
@@ -545,6 +548,27 @@ public final class PromisesTest {
         due.throwsNoSuch("a was TAKEN ahead of the writing", () -> y.key(0, 3));
         due.throwsNoSuch("b is not written", () -> y.key(1, 3));
         due.is("key(2, 3)", y.key(2, 3), 3);
+        y.image(0);
+        // another CHECK, with another TWIN of that KEY
+        due.is("ahead of all", y.undo(), 3);
+        y.ticks(6);
+        y.check();
+        Due.submit(y, 0, "c = 14;");
+        due.is("book(0)", Due.book(y, 0, "tick 2;"), NONE);
+        due.throwsNoSuch("key(2, 3)", () -> y.key(2, 3));
+        due.is("book(1)", Due.book(y, 1, "tick 2;"), NONE);
+        due.is("key(2, 3) by a BOOK", y.key(2, 3), 13);
+        y.image(1);
+        y.restore(0);
+        due.is("key(2, 3) as kept", y.key(2, 3), 3);
+        y.ticks(1);
+        y.ticks(1);
+        y.check();
+        Due.submit(y, 0, "c = 1;");
+        y.ticks(2);
+        y.undo();
+        y.restore(1);
+        due.is("key(2, 3) as kept", y.key(2, 3), 13);
         int[][] none = {{-1, 0}, {3, 0}, {0, -1}, {0, 4}, {LOW, 1}, {10, 2}, {0, HIGH}};
         for (int[] n : none) {
             due.throwsNoSuch("key(" + n[0] + ", " + n[1] + ")", () -> y.key(n[0], n[1]));
@@ -768,12 +792,32 @@ public final class PromisesTest {
         }
         due.is("over()", y.over(), 20 + 24 * 9 + 1);
         // more than 40 ENTRIES: the last ones never come into the ORDER
+        longestOver();
         fullOrder();
+    }
+
+    /** 8 TRANS of which one goes and the others are asked anew, all sent over, and 4 more: 406 TICKS. */
+    private static void longestOver() {
+        AgreedInput x = with("site s; site t; key i s 0; key j t 0; key k s 0; copy m 1 first; epoch 18; link 9;",
+            "at k = 5; k = 1 - k; j = j;", "i = j;");
+        for (int n = 1; n < 8; n++) {
+            x.put(0, 0);
+        }
+        for (int n = 1; n < 4; n++) {
+            x.put(0, 1);
+        }
+        due.is("not in 400", x.over(), NONE);
+        for (int i = 0; i < 1000 && x.over() == NONE; i++) {
+            x.ticks(1);
+        }
+        due.is("in 400", x.over(), 400);
+        x.undo();
+        due.is("not in 401", x.over(), NONE);
     }
 
     /** The ORDER has 40 ENTRIES at most: here each TRANS makes the index another one, so all are asked anew till it is full. */
     private static void fullOrder() {
-        AgreedInput x = with("site s; key i s 0; key j s 0; copy m 1 first; epoch 3;", "at j = at j + 1; at j = at j + 1; j = 1 - j;");
+        AgreedInput x = with("site s; key i s 0; key j s 0; key k s 7; copy m 1 first; epoch 3;", "at j = at j + 1; at j = at j + 1; j = 1 - j;");
         for (int n = 1; n < 24; n++) {
             x.put(0, 0);
         }
@@ -789,6 +833,12 @@ public final class PromisesTest {
         due.is("arrived(0, 0)", x.arrived(0, 0) >= 0, true);
         x.ticks(9);
         due.is("now(2)", x.now(2), 40);
+        due.is("so() behind 0 to 40", Due.so(x, 2, 7), 41);
+        due.is("soAt(40)", x.soAt(40), 40);
+        due.is("soAt(41)", x.soAt(41), NONE);
+        due.is("ask()", x.ask() < 2, true);
+        due.is("a place beyond", x.said(NONE), NONE);
+        says(x, "place > 38", 39);
     }
 
     private static void so() {
@@ -901,6 +951,23 @@ public final class PromisesTest {
         }
         due.is("now(0)", x.now(0), 0);
         due.is("now(1)", x.now(1), 2);
+        // but one TICK is left, in which what is in the ORDER goes
+        AgreedInput y = with(ONE_SITE);
+        for (int i = 0; i < 16; i++) {
+            y.ticks(60);
+        }
+        y.ticks(38);
+        Due.submit(y, 0, "a = a + 1;");
+        y.ticks(1);
+        due.is("same()", y.same(), 0);
+        int found = 0;
+        for (int i = 0; i < 10; i++) {
+            due.is("drawn(30, " + i + ")", y.drawn(30, i), 1);
+            found += y.same();
+            y.undo();
+        }
+        due.is("some of them are", found > 0, true);
+        due.is("odds(10, 0)", y.odds(10, 0), found);
         // at TICK 1000 no TICK goes by, and nothing is drawn
         for (int i = 0; i < 17; i++) {
             x.ticks(60);
@@ -1067,6 +1134,13 @@ public final class PromisesTest {
         due.is("how(1, 0)", x.how(1, 0), 0);
         due.is("the SENTENCE", x.said(NONE), 1);
         due.is("the tape stays", x.count(5), 3);
+        Due.tape(x, "place < 1 and not writes b");
+        x.sentence();
+        x.image(0);
+        Due.sentence(x, "place > 1 and not writes a");
+        x.restore(0);
+        due.is("the SENTENCE with its SIGNS", x.said(NONE), 1);
+        Due.tape(x, "abc");
         due.is("told() stays", x.told(1), 1);
         due.is("soAt() stays", x.soAt(0), 0);
         due.is("nothing can be undone", x.undo(), NONE);

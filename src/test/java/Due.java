@@ -5,6 +5,7 @@ import java.util.function.IntSupplier;
 final class Due {
     static final int NO_SUCH = Integer.MIN_VALUE + 77;
     private final String name;
+    private String test = "";
     private int calls;
     private int wrong;
 
@@ -12,13 +13,29 @@ final class Due {
         this.name = name;
     }
 
+    /** Which test's answers come now. */
+    void at(String nextTest) {
+        test = nextTest;
+    }
+
     void is(String call, long got, long due) {
         calls++;
         if (got != due) {
-            wrong++;
-            if (wrong <= 40) {
-                System.out.println(name + ": " + call + " answered " + got + ", due is " + due);
-            }
+            tellWrong(call, Long.toString(got), Long.toString(due));
+        }
+    }
+
+    void is(String call, String got, String due) {
+        calls++;
+        if (!got.equals(due)) {
+            tellWrong(call, got, due);
+        }
+    }
+
+    private void tellWrong(String call, String got, String due) {
+        wrong++;
+        if (wrong <= 40) {
+            System.out.println(name + ": " + test + ": " + call + " answered " + got + ", due is " + due);
         }
     }
 

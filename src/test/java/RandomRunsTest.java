@@ -7,7 +7,10 @@ import java.util.function.IntSupplier;
 
 /** Runs of calls, drawn by numbers that are always the same, each answer compared with Model's. */
 public final class RandomRunsTest {
-    private static final int CALLS = 500;
+    /** What an object answers behind these calls is free. */
+    private static final int MOST_CALLS = 512;
+    /** More than one act takes with its text, and one look. */
+    private static final int CALLS_OF_ONE_ACT = 60;
 
     private final Random draws;
     private final Due due;
@@ -17,6 +20,7 @@ public final class RandomRunsTest {
     /** 0 some of all, 1 many TICKS, 2 much that is PUT, and 'at' often, so that the ORDER comes to be full. */
     private final int sort;
     private int calls;
+    private static int mostCalls;
     private static int mostTicks;
     private static int mostOrdered;
     private static int mostTries;
@@ -293,7 +297,9 @@ public final class RandomRunsTest {
         int sites = m.db.world.sites.size();
         int s = near(sites);
         int act = draw(20);
-        if (sort == 2 && oneIn(3)) {
+        if (sort == 1 && oneIn(3)) {
+            act = 19;
+        } else if (sort == 2 && oneIn(3)) {
             act = 4;
         } else if (act == 11 && oneIn(2)) {
             act = 19;
@@ -425,14 +431,18 @@ public final class RandomRunsTest {
         }
     }
 
+    private int callsOfLookAtAll() {
+        return m.db.copies.size() * (m.db.world.keys.size() + m.db.order.size());
+    }
+
     private void lookAtAll() {
         for (int c = 0; c < m.db.copies.size(); c++) {
             int copy = c;
-            for (int k = 0; k < m.db.world.keys.size(); k++) {
+            for (int k = 0; k < m.db.world.keys.size() && calls < MOST_CALLS; k++) {
                 int key = k;
                 compare("value(" + c + ", " + k + ")", () -> x.value(copy, key), () -> m.value(copy, key));
             }
-            for (int i = 0; i < m.db.order.size(); i++) {
+            for (int i = 0; i < m.db.order.size() && calls < MOST_CALLS; i++) {
                 int place = i;
                 compare("how(" + c + ", " + i + ")", () -> x.how(copy, place), () -> m.how(copy, place));
             }
@@ -441,7 +451,7 @@ public final class RandomRunsTest {
 
     private void go() {
         tellWorld();
-        while (calls < CALLS - 130 && !due.isWrong()) {
+        while (calls + callsOfLookAtAll() + CALLS_OF_ONE_ACT <= MOST_CALLS && !due.isWrong()) {
             if (oneIn(m.db.world.keys.isEmpty() ? 10 : sort == 0 ? 60 : 300)) {
                 tellWorld();
             } else if (oneIn(2)) {
@@ -451,6 +461,7 @@ public final class RandomRunsTest {
             }
         }
         lookAtAll();
+        mostCalls = Math.max(mostCalls, calls);
         mostTicks = Math.max(mostTicks, m.db.tick);
         mostOrdered = Math.max(mostOrdered, m.db.order.size());
         for (int n = 0; n < m.db.transes.size(); n++) {
@@ -465,6 +476,7 @@ public final class RandomRunsTest {
         for (int seed = from; seed < from + runs && !due.isWrong(); seed++) {
             new RandomRunsTest(seed, due).go();
         }
+        due.is("calls of one object stay within 512", mostCalls <= MOST_CALLS, true);
         // runs that never come there would show nothing of these edges
         due.is("TICK 1000 was reached", runs < 1000 || mostTicks == 1000, true);
         due.is("the ORDER was full", runs < 1000 || mostOrdered == 40, true);

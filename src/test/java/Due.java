@@ -28,8 +28,23 @@ final class Due {
     void is(String call, String got, String due) {
         calls++;
         if (!got.equals(due)) {
-            tellWrong(call, got, due);
+            int from = Math.max(0, unlikeAt(got, due) - 40);
+            tellWrong(call, part(got, from), part(due, from));
         }
+    }
+
+    /** Where two texts that are not alike go apart. */
+    private static int unlikeAt(String one, String other) {
+        int i = 0;
+        while (i < one.length() && i < other.length() && one.charAt(i) == other.charAt(i)) {
+            i++;
+        }
+        return i;
+    }
+
+    private static String part(String text, int from) {
+        int to = Math.min(text.length(), from + 120);
+        return (from > 0 ? ".." : "") + text.substring(from, to) + (to < text.length() ? ".." : "");
     }
 
     private void tellWrong(String call, String got, String due) {

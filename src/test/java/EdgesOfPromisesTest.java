@@ -107,6 +107,23 @@ public final class EdgesOfPromisesTest {
         due.is("check()", x.check(), 0);
     }
 
+    static void promise01_its512thCallIsAnswered() {
+        AgreedInput x = new AgreedInput();
+        for (int call = 1; call < 512; call++) {
+            due.is("ticks(1), call " + call, x.ticks(1), 1);
+        }
+        due.is("now(0), call 512", x.now(0), 511);
+        AgreedInput y = with("site s;key a s 1;epoch 1;", "a = a + 1;");
+        // nine calls are made
+        for (int call = 10; call < 511; call += 3) {
+            due.is("odds(10, .), call " + call, y.odds(10, call) >= 0, true);
+            due.is("drawn(60, .), call " + (call + 1), y.drawn(60, call), 60);
+            due.is("undo(), call " + (call + 2), y.undo(), 1);
+        }
+        due.is("same(), call 511", y.same(), 1);
+        due.is("over(), call 512", y.over(), 2);
+    }
+
     private static int noneOfThese(AgreedInput x, int what) {
         switch (what) {
             case 0: return x.arrived(0, 0);
@@ -680,6 +697,21 @@ public final class EdgesOfPromisesTest {
         due.is("two ENTRIES", x.trans(1, 2), 2);
         due.is("the place of the last", x.trans(1, 3), 2);
         due.is("of TRANS 0", x.trans(0, 3), 0);
+    }
+
+    static void promise15_transPlaceWhileTheLastOneHasOnlyArrived() {
+        // the last one in the ORDER: one that has arrived anew has no place, the one ahead of it keeps its own
+        AgreedInput x = with("site s;key i s 1;key j s 2;key k s 3;epoch 3;", "i = 2;", "at i = 9;");
+        x.ticks(2);
+        due.is("it has only arrived", x.trans(1, 3), NONE);
+        x.ticks(3);
+        due.is("one arrived anew", x.arrived(0, 0), 1);
+        due.is("two ENTRIES", x.trans(1, 2), 2);
+        due.is("the one in the ORDER", x.trans(1, 3), 1);
+        x.ticks(1);
+        due.is("both are", x.trans(1, 3), 2);
+        due.is("undo()", x.undo(), 4);
+        due.is("the one in the ORDER", x.trans(1, 3), 1);
     }
 
     static void promise16_arrivedAtASite() {

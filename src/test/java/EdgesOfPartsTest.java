@@ -171,6 +171,27 @@ public final class EdgesOfPartsTest {
         entryOf("need at c > 1;", 4, 0, 0);
     }
 
+    static void part2_termsBehindPlusAndMinusAreRead() {
+        entryOf("a = 1 + b;", 2, 1, 0);
+        entryOf("a = 1 - b;", 2, 1, 0);
+        entryOf("a = 1 - c + b;", 6, 1, 1);
+        entryOf("a = 1 + 2 + 3 - c;", 4, 1, 1);
+        entryOf("c = b - a - 1;", 3, 4, 1);
+        entryOf("a = a - b;", 2, 1, 0);
+        entryOf("c = 1 - at a;", 3, 4, 1);
+        entryOf("a = 0 - at c;", 4, 1, 1);
+    }
+
+    static void part2_keysBehindEachAtAreRead() {
+        entryOf("c = at a + at b;", 3, 4, 1);
+        entryOf("c = at b + at a;", 3, 4, 1);
+        entryOf("a = at c; a = at b;", 6, 1, 1);
+        entryOf("at a = at b;", 5, 2, 1);
+        entryOf("at b = at a;", 3, 4, 1);
+        entryOf("b = at a; b = at c; b = at c;", 5, 2, 1);
+        entryOf("need at a = 1; at b = 1;", 3, 4, 1);
+    }
+
     static void part2_wideIsOfMoreThanOneSite() {
         entryOf("a = b;", 2, 1, 0);
         entryOf("a = c;", 4, 1, 1);
@@ -1041,6 +1062,133 @@ public final class EdgesOfPartsTest {
         due.is("of one number", x.ask(), 0);
     }
 
+    // ---- as many of all as there may be
+
+    /** 3 SITES, 10 KEYS, which are 0, 10, .. 90 at first, 3 COPIES. */
+    private static AgreedInput wide() {
+        StringBuilder text = new StringBuilder("site s;site t;site u;");
+        for (int k = 0; k < 10; k++) {
+            text.append("key k").append((char) ('a' + k)).append(' ').append("stu".charAt(k % 3)).append(' ').append(10 * k).append(';');
+        }
+        return with(text.append("copy m 1 first;copy n 4 last;copy o 2 last;epoch 1;link 1;").toString());
+    }
+
+    static void part2_worldOf10KeysAnd3Copies() {
+        AgreedInput x = wide();
+        Due.submit(x, 0, "kj = kj + 5;");
+        Due.submit(x, 1, "ki = kj + ka; kj = 7;");
+        Due.submit(x, 2, "need kj = 7; kb = kj + ki; at kb = 3;");
+        // kb is 10 when it arrives: its 'at' is ka
+        x.ticks(1);
+        due.is("foreseen(2, 0)", x.foreseen(2, 0), 0);
+        due.is("READS", x.entry(2, 2), 1 << 9 | 1 << 8);
+        due.is("WRITES", x.entry(2, 3), 3);
+        for (int c = 0; c < 3; c++) {
+            due.is("asks(" + c + ", 9, 0)", x.asks(c, 9, 0), 1);
+            due.is("asks(" + c + ", 9, 1)", x.asks(c, 9, 1), 3);
+            due.is("asks(" + c + ", 9, 2)", x.asks(c, 9, 2), 4);
+            due.is("asks(" + c + ", 9, 3)", x.asks(c, 9, 3), NONE);
+            due.is("same()", x.same(), 0);
+        }
+        int[] behind = {3, 102, 20, 30, 40, 50, 60, 70, 95, 7};
+        for (int k = 0; k < 10; k++) {
+            due.is("serial(" + k + ")", x.serial(k), behind[k]);
+        }
+        due.is("over()", x.over(), 4);
+        x.ticks(4);
+        due.is("same()", x.same(), 1);
+        for (int c = 0; c < 3; c++) {
+            values(x, c, behind);
+        }
+        for (int c = 2; c >= 0; c--) {
+            x.crash(c);
+            values(x, c, 0, 10, 20, 30, 40, 50, 60, 70, 80, 90);
+            due.is("same() behind it", x.same(), 0);
+        }
+        x.ticks(5);
+        due.is("same()", x.same(), 1);
+        for (int c = 0; c < 3; c++) {
+            values(x, c, behind);
+        }
+    }
+
+    static void part2_aCheckOf10Keys() {
+        AgreedInput x = wide();
+        Due.submit(x, 0, "kj = kj + 5;");
+        x.ticks(2);
+        x.check();
+        Due.submit(x, 0, "kj = 1; kb = 1;");
+        for (int taken = 1; taken < 10; taken++) {
+            x.ticks(1);
+            due.is("TAKEN", x.now(6), (1 << taken) - 1);
+            // it is GOING for a TICK; kb was TAKEN ahead of that
+            due.is("TWINS", x.now(7), taken < 3 ? 0 : 1 << 9);
+        }
+        due.is("key(9, 3)", x.key(9, 3), 95);
+        due.is("key(9, 2)", x.key(9, 2), 90);
+        x.ticks(1);
+        due.is("it is over", x.now(4), 0);
+        due.is("POINT", x.now(8), 1);
+        for (int k = 0; k < 10; k++) {
+            due.is("key(" + k + ", 2)", x.key(k, 2), k == 9 ? 95 : 10 * k);
+        }
+        x.crash(2);
+        values(x, 2, 0, 10, 20, 30, 40, 50, 60, 70, 80, 95);
+        hows(x, 2, DONE, WAITING);
+    }
+
+    static void part3_soAndAskOf10Keys() {
+        AgreedInput x = wide();
+        for (int n = 0; n < 4; n++) {
+            Due.submit(x, 0, n < 2 ? "kj = kj + 1;" : "kj = kj - 1; ki = 5;");
+        }
+        x.ticks(1);
+        due.is("ka was 0 behind all", Due.so(x, 0, 0), 5);
+        due.is("kj had 3 VALUES", x.ask(), 9);
+        due.is("kj was 91 behind 1, 3", Due.so(x, 9, 91), 2);
+        due.is("soAt(0)", x.soAt(0), 1);
+        due.is("soAt(1)", x.soAt(1), 3);
+        due.is("ki was 80, 5", x.ask(), 8);
+        due.is("all that there may be", Due.so(x, 9, 92, 8, 80, 7, 70, 2, 20, 1, 10, 0, 0), 1);
+        due.is("soAt(0)", x.soAt(0), 2);
+        due.is("there is no KEY 10", Due.so(x, 10, 0), NONE);
+    }
+
+    static void part2_anOrderOf40() {
+        AgreedInput x = retriedOnce(16);
+        due.is("now(2)", x.now(2), 40);
+        due.is("same()", x.same(), 1);
+        due.is("serial(0)", x.serial(0), 1);
+        due.is("how(0, 1)", x.how(0, 1), RETRIED);
+        int tick = x.now(0);
+        x.crash(0);
+        for (int i = 0; i < 40; i++) {
+            due.is("how(0, " + i + ") behind a crash", x.how(0, i), WAITING);
+        }
+        due.is("asks(0, 0, 0)", x.asks(0, 0, 0), 1);
+        due.is("over() of 4 WORKERS", x.over(), 10);
+        x.ticks(10);
+        due.is("same()", x.same(), 1);
+        due.is("none arrived once more", x.now(3), 0);
+        x.check();
+        due.is("POINT", x.now(5), 40);
+        x.ticks(2);
+        due.is("POINT of the CHECKPOINT", x.now(8), 40);
+        x.image(1);
+        x.crash(0);
+        due.is("the TICK", x.now(0), tick + 12);
+        for (int i = 0; i < 40; i++) {
+            due.is("how(0, " + i + ") by the CHECKPOINT", x.how(0, i), i == 1 || i > 2 && i < 18 ? RETRIED : DONE);
+        }
+        due.is("same()", x.same(), 1);
+        values(x, 0, 1, 0);
+        due.is("undo()", x.undo() >= 0, true);
+        due.is("restore(1)", x.restore(1), true);
+        due.is("how(0, 39)", x.how(0, 39), DONE);
+        due.is("so behind all", Due.so(x, 1, 0), 41);
+        due.is("i was 0 behind none", Due.so(x, 0, 0), 1);
+    }
+
     // ---- DRAWN
 
     private static int next(int seed) {
@@ -1101,7 +1249,10 @@ public final class EdgesOfPartsTest {
             x.drawn(2, seed);
             due.is("TRANS", x.now(1), 24);
             due.is("the CHECK goes on", x.now(6), 3);
+            due.is("its POINT", x.now(5), 0);
             due.is("ENTRIES", x.now(2), 0);
+            due.is("ENTRIES that arrived", x.now(3), 24);
+            due.is("ENTRIES of the first", x.trans(0, 2), 1);
             seen++;
         }
         due.is("seeds", seen, 60);

@@ -1348,6 +1348,22 @@ public final class EdgesOfPromisesTest {
         says(x, "done", 0);
     }
 
+    static void promise36_saidOfWhatIsWithinOneAnother() {
+        // of 1 alone: reads a; of 2: writes c; of 3: reads c; of 0 and 2: ready
+        AgreedInput x = with(ONE, "a = 1;", "b = a;", "c = 1;", "need c = 1;");
+        x.ticks(1);
+        says(x, "reads a or (writes c or (ready and going))", 1, 2);
+        says(x, "reads a or (going or (ready and writes c))", 1, 2);
+        says(x, "reads a or (writes c or (going and ready))", 1, 2);
+        says(x, "ready or (reads a or (reads c or (going and done)))", 0, 1, 2, 3);
+        says(x, "reads a or (going and (going or going and waiting))", 1);
+        says(x, "waiting and (ready or (reads a and (going or going)))", 0, 2);
+        says(x, "waiting and (waiting and (waiting and (waiting or going) or going) and reads c)", 3);
+        says(x, "not (waiting and (ready or (reads a and (going or not done))))", 3);
+        says(x, "not (going or (going or not (waiting and writes c)))", 2);
+        says(x, "((reads a)) or (not ((ready or reads a) or going))", 1, 3);
+    }
+
     static void promise36_saidOfCopy0Alone() {
         AgreedInput x = with(ONE + "copy n 4 first;", "a = 1;", "b = 1;", "need c = 9;");
         x.ticks(2);

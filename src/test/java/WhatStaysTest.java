@@ -297,6 +297,24 @@ public final class WhatStaysTest {
         refusedLeaves("need a=1;need a=1;#", "need a=9;a=4;", 0, 4, 1);
     }
 
+    static void promise11_anUndoneTransLeavesNothingForTheNext() {
+        String world = "site s;key a s 1;key b s 2;key c s 5;epoch 1;link 0;";
+        String[] undone = {"a=b+c+at b-at c;b=at a+at c;", "need at b<9;need at c>0;", "a=1-b;a=1-c;"};
+        String[] texts = {"a=1;", "b=a;", "need a=1;", "need at a>0;a=9;", "a=b-c;", "at a=3;need a=1;"};
+        for (String first : undone) {
+            for (String text : texts) {
+                AgreedInput x = with(world, first);
+                due.is("undo()", x.undo(), 0);
+                AgreedInput y = with(world);
+                for (AgreedInput one : new AgreedInput[] {x, y}) {
+                    due.is("submit() of " + text, Due.submit(one, 0, text), 0);
+                    one.ticks(3);
+                }
+                due.is(text + " behind " + first + ", undone", Look.of(x), Look.of(y));
+            }
+        }
+    }
+
     // ---- a BOOK
 
     private static void booked(Consumer<AgreedInput> told, String text, int wrong, Consumer<AgreedInput> calls) {

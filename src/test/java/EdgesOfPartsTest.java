@@ -1152,6 +1152,10 @@ public final class EdgesOfPartsTest {
         due.is("all that there may be", Due.so(x, 9, 92, 8, 80, 7, 70, 2, 20, 1, 10, 0, 0), 1);
         due.is("soAt(0)", x.soAt(0), 2);
         due.is("there is no KEY 10", Due.so(x, 10, 0), NONE);
+        AgreedInput y = with(keys(10, 1), "ka = ka;", "kj = kj;");
+        y.ticks(1);
+        due.is("all KEYS have one VALUE", Due.so(y, 0, 1), 3);
+        due.is("the first of like ones", y.ask(), 0);
     }
 
     static void part2_anOrderOf40() {

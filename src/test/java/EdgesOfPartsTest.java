@@ -237,6 +237,93 @@ public final class EdgesOfPartsTest {
         }
     }
 
+    private static void entry(AgreedInput x, int i, int... wanted) {
+        for (int what = 0; what < wanted.length; what++) {
+            due.is("entry(" + i + ", " + what + ")", x.entry(i, what), wanted[what]);
+        }
+        due.is("trans(" + wanted[0] + ", 3)", x.trans(wanted[0], 3), i);
+    }
+
+    private static void asking(AgreedInput x, int k, int... wanted) {
+        for (int i = 0; i < wanted.length; i++) {
+            due.is("asks(0, " + k + ", " + i + ")", x.asks(0, k, i), wanted[i]);
+        }
+        due.is("asks(0, " + k + ", " + wanted.length + ")", x.asks(0, k, wanted.length), NONE);
+    }
+
+    private static void says(AgreedInput x, String sentence, int... places) {
+        Due.sentence(x, sentence);
+        for (int i = 0; i < places.length; i++) {
+            due.is("said(" + i + ") of " + sentence, x.said(i), places[i]);
+        }
+        due.is("said(NONE) of " + sentence, x.said(NONE), places.length);
+    }
+
+    /** The ORDER is 1, 3, 0, 2 of those that arrived. */
+    private static AgreedInput notAsTheyArrived() {
+        AgreedInput x = with("site s;site t;key a s 1;key b t 2;key c t 0;copy m 1 first;epoch 3;link 2;");
+        Due.submit(x, 1, "need at a < b;");
+        Due.submit(x, 0, "a = at b;");
+        Due.submit(x, 1, "c = 5;");
+        Due.submit(x, 0, "need c = 0;");
+        x.ticks(3);
+        return x;
+    }
+
+    static void part2_theOrderIsNotAsTheyArrived() {
+        AgreedInput x = notAsTheyArrived();
+        entry(x, 0, 1, 0, 6, 1, 1, 0);
+        entry(x, 1, 3, 0, 4, 0, 0, 0);
+        entry(x, 2, 0, 1, 3, 0, 1, 1);
+        entry(x, 3, 2, 1, 0, 4, 0, 2);
+        int[] foreseen = {2, NONE, 1, NONE};
+        int[] waits = {0, 0, 1, 2};
+        for (int i = 0; i < 4; i++) {
+            due.is("foreseen(" + i + ", 0)", x.foreseen(i, 0), foreseen[i]);
+            due.is("waits(0, " + i + ")", x.waits(0, i), waits[i]);
+        }
+        asking(x, 0, 1, 4);
+        asking(x, 1, 0, 4);
+        asking(x, 2, 0, 2, 7);
+        readies(x, 0, 0, 1);
+        says(x, "wide", 0, 2);
+        says(x, "reads c", 0, 1);
+        says(x, "writes c", 3);
+        says(x, "writes a", 0);
+        says(x, "from t", 2, 3);
+        says(x, "trans < 2", 0, 2);
+        says(x, "ready", 0, 1);
+    }
+
+    static void part2_itGoesByTheOrder() {
+        AgreedInput x = notAsTheyArrived();
+        due.is("chain()", x.chain(), 2);
+        due.is("least()", x.least(), 6);
+        due.is("serial(0)", x.serial(0), 0);
+        due.is("serial(2)", x.serial(2), 5);
+        x.ticks(1);
+        hows(x, 0, GOING, WAITING, WAITING, WAITING);
+        x.ticks(1);
+        hows(x, 0, GOING, DONE, WAITING, WAITING);
+        x.ticks(1);
+        hows(x, 0, DONE, DONE, GOING, WAITING);
+        values(x, 0, 0, 2, 0);
+        x.ticks(1);
+        hows(x, 0, DONE, DONE, GOING, DONE);
+        values(x, 0, 0, 2, 5);
+        x.ticks(1);
+        hows(x, 0, DONE, DONE, RETRIED, DONE);
+        due.is("now(3)", x.now(3), 1);
+        due.is("arrived(1, 0)", x.arrived(1, 0), 0);
+        says(x, "tries = 2", 2);
+        says(x, "tries = 1", 0, 1, 3);
+        x.ticks(1);
+        due.is("entry(4, 0)", x.entry(4, 0), 0);
+        due.is("foreseen(4, 0)", x.foreseen(4, 0), 0);
+        due.is("entry(4, 2)", x.entry(4, 2), 3);
+        due.is("trans(0, 3)", x.trans(0, 3), 4);
+    }
+
     /** 24 TRANS, of which so many are RETRIED once, so that there are 24 ENTRIES and so many. */
     private static AgreedInput retriedOnce(int number) {
         AgreedInput x = with("site s;key i s 0;key j s 0;copy m 4 first;epoch 1;link 0;", "i = 1;", "need at i = 0;", "need j = 0;");

@@ -130,6 +130,19 @@ public final class WhatStaysTest {
         due.is("COPY 1, that CRASHED", hows(y, 1), "421000");
     }
 
+    static void part3_whatIsOnlyAskedLeavesAll() {
+        alike("all was asked", x -> {
+            tellSecond(x);
+            Look.of(x);
+            x.odds(4, 7);
+            due.is("no FAULT", x.fault(), 0);
+        }, WhatStaysTest::tellSecond);
+        AgreedInput x = second();
+        AgreedInput y = second();
+        Look.of(x);
+        due.is("what can be undone, too", Look.through(x), Look.through(y));
+    }
+
     // ---- a new WORLD, images
 
     static void part3_aNewWorldHasNothingOfTheOneAhead() {

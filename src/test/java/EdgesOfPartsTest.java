@@ -317,6 +317,10 @@ public final class EdgesOfPartsTest {
         due.is("arrived(1, 0)", x.arrived(1, 0), 0);
         says(x, "tries = 2", 2);
         says(x, "tries = 1", 0, 1, 3);
+        says(x, "done", 0, 1, 3);
+        says(x, "retried", 2);
+        says(x, "place < 2", 0, 1);
+        says(x, "place = 2 and trans = 0 or place = 3 and writes c", 2, 3);
         x.ticks(1);
         due.is("entry(4, 0)", x.entry(4, 0), 0);
         due.is("foreseen(4, 0)", x.foreseen(4, 0), 0);
@@ -439,6 +443,28 @@ public final class EdgesOfPartsTest {
         x.ticks(3);
         hows(x, 0, DONE, RETRIED, DONE, RETRIED, DONE);
         values(x, 0, 1, 5, 30);
+    }
+
+    static void part2_whoWasRetriedArrivesNoMoreBehindACrash() {
+        AgreedInput x = with("site s;key i s 1;key j s 20;key k s 30;copy m 1 first;epoch 1;link 0;", "i = 2;", "at i = 5;");
+        x.ticks(4);
+        hows(x, 0, DONE, RETRIED, DONE);
+        // the numbers of a TRANS and of its ENTRY, as it arrived, are not the same any more
+        Due.submit(x, 0, "i = 0;");
+        Due.submit(x, 0, "at i = 7;");
+        x.ticks(4);
+        int[] went = {DONE, RETRIED, DONE, DONE, RETRIED, DONE};
+        hows(x, 0, went);
+        values(x, 0, 7, 20, 5);
+        for (int crashes = 0; crashes < 3; crashes++) {
+            x.crash(0);
+            x.ticks(9);
+            hows(x, 0, went);
+            values(x, 0, 7, 20, 5);
+            due.is("ENTRIES that arrived", x.now(3), 0);
+            due.is("ENTRIES of TRANS 1", x.trans(1, 2), 2);
+            due.is("ENTRIES of TRANS 3", x.trans(3, 2), 2);
+        }
     }
 
     static void part2_anAtIsTheOneThatWasForeseen() {

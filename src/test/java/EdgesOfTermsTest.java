@@ -470,6 +470,14 @@ public final class EdgesOfTermsTest {
         transFails(times(6, "a=1;") + "at b=1;", 4, 24);
         transFails(times(6, "need a=1;") + "b", 4, 54);
         transFails(times(6, "a=1;") + ";", 1, 24);
+        for (int n = 0; n <= 999; n += 97) {
+            transFails(times(6, "a=1;") + n + "=1;", 1, 24);
+        }
+        AgreedInput x = with("site s;key a s 1;key b s 1;key c s 1;");
+        due.is("a seventh STEP of the last KEY", Due.submit(x, 0, times(6, "a=1;") + "c=1;"), -26);
+        due.is("fault()", x.fault(), 4);
+        due.is("a fifth TERM of the last KEY", Due.submit(x, 0, "a=1+1+1+1+c;"), -12);
+        due.is("fault()", x.fault(), 4);
     }
 
     static void terms_transStepHas1To4Terms() {
@@ -604,6 +612,20 @@ public final class EdgesOfTermsTest {
         bookFails("crash o;", 3, 6);
         bookFails("crash 0;", 1, 6);
         bookFails("crash;", 1, 5);
+    }
+
+    static void terms_bookNamesTheLastOfEachSort() {
+        AgreedInput x = with("site s;site t;site u;");
+        due.is("a SITE where there is one COPY", Due.book(x, 0, "tick 1; put u 0;"), 1);
+        due.is("told(0)", x.told(0), 9);
+        AgreedInput y = with("site s;copy m 1 first;copy n 1 last;copy o 1 first;");
+        due.is("a COPY where there is one SITE", Due.book(y, 0, "tick 1; crash o;"), 1);
+        due.is("told(0)", y.told(0), 21);
+        due.is("a COPY is no SITE", Due.book(y, 0, "put m 0;"), -2 - 4);
+        due.is("fault()", y.fault(), 3);
+        AgreedInput z = with("copy m 1 first;copy n 1 last;copy o 1 first;");
+        due.is("a COPY without SITES", Due.book(z, 0, "check; crash o;"), 1);
+        due.is("told(0)", z.told(0), 21);
     }
 
     static void terms_bookEndsBehindALineAlone() {

@@ -278,6 +278,78 @@ public final class WhatStaysTest {
         });
     }
 
+    // ---- a CHECK that is on
+
+    /** KEYS a, b are TAKEN, a is written in the next TICK once more, c for the first time. */
+    private static AgreedInput taking() {
+        AgreedInput x = with("site s;key a s 1;key b s 2;key c s 3;copy m 1 first;epoch 1;link 0;", "a = 5;");
+        x.ticks(2);
+        x.check();
+        x.ticks(1);
+        Due.submit(x, 0, "a = 9; c = 8;");
+        x.ticks(1);
+        due.is("TAKEN", x.now(6), 3);
+        return x;
+    }
+
+    private static void taken(String name, AgreedInput x) {
+        due.is(name + ": it is over", x.now(4), 0);
+        due.is(name + ": POINT", x.now(8), 1);
+        int[] checkpoint = {5, 2, 3};
+        int[] values = {9, 2, 8};
+        for (int k = 0; k < 3; k++) {
+            due.is(name + ": key(" + k + ", 2)", x.key(k, 2), checkpoint[k]);
+            due.is(name + ": value(0, " + k + ")", x.value(0, k), values[k]);
+        }
+    }
+
+    static void promise38_whatACheckHasTakenIsBroughtBack() {
+        AgreedInput x = taking();
+        x.ticks(1);
+        taken("by ticks()", x);
+        x.undo();
+        due.is("TAKEN", x.now(6), 3);
+        x.ticks(1);
+        taken("undone, and ticks() again", x);
+        x.undo();
+        x.drawn(1, 5);
+        x.undo();
+        Due.book(x, 1, "tick 1;");
+        taken("by a BOOK", x);
+        x.undo();
+        x.image(1);
+        Due.world(x, "site s;key a s 7;key b s 7;key c s 7;epoch 1;");
+        x.check();
+        x.ticks(3);
+        x.restore(1);
+        x.ticks(1);
+        taken("restored", x);
+    }
+
+    static void part3_copiesOfANewWorldWait() {
+        String world = "site s;key a s 1;copy m 1 first;copy n 1 first;copy o 1 last;epoch 1;link 0;";
+        AgreedInput x = with(world, "a = 2;");
+        x.ticks(2);
+        due.is("same()", x.same(), 1);
+        Due.world(x, world);
+        Due.submit(x, 0, "a = 3;");
+        x.ticks(1);
+        for (int c = 0; c < 3; c++) {
+            due.is("how(" + c + ", 0)", x.how(c, 0), 0);
+            due.is("ready(" + c + ", 0)", x.ready(c, 0), 0);
+            due.is("value(" + c + ", 0)", x.value(c, 0), 1);
+        }
+        x.ticks(1);
+        x.undo();
+        x.undo();
+        x.undo();
+        Due.submit(x, 0, "need a = 7;");
+        x.ticks(1);
+        for (int c = 0; c < 3; c++) {
+            due.is("how(" + c + ", 0) behind undo()", x.how(c, 0), 0);
+        }
+    }
+
     // ---- a TRANS that was refused
 
     private static AgreedInput refusedThen(String refused, String text) {

@@ -192,6 +192,23 @@ public final class EdgesOfPartsTest {
         entryOf("need at a = 1; at b = 1;", 3, 4, 1);
     }
 
+    static void part2_eachEntryHasItsOwnForeseenKeys() {
+        // at a is b, at b is c, at c is a
+        AgreedInput x = with("site s;key a s 1;key b s 2;key c s 3;epoch 1;", "need at a = 1;", "need at b = 1;", "need at c = 1;",
+            "need at a = at b;", "need b = 1; need at c = 1;", "at c = 1; need at b = 1;");
+        x.ticks(1);
+        int[] reads = {3, 6, 5, 7, 7, 6};
+        int[][] foreseen = {{1}, {2}, {0}, {1, 2}, {0}, {0, 2}};
+        for (int i = 0; i < reads.length; i++) {
+            due.is("READS of " + i, x.entry(i, 2), reads[i]);
+            due.is("WRITES of " + i, x.entry(i, 3), i == 5 ? 1 : 0);
+            for (int j = 0; j < foreseen[i].length; j++) {
+                due.is("foreseen(" + i + ", " + j + ")", x.foreseen(i, j), foreseen[i][j]);
+            }
+            due.is("foreseen(" + i + ") behind them", x.foreseen(i, foreseen[i].length), NONE);
+        }
+    }
+
     static void part2_wideIsOfMoreThanOneSite() {
         entryOf("a = b;", 2, 1, 0);
         entryOf("a = c;", 4, 1, 1);
@@ -303,11 +320,17 @@ public final class EdgesOfPartsTest {
         due.is("serial(2)", x.serial(2), 5);
         x.ticks(1);
         hows(x, 0, GOING, WAITING, WAITING, WAITING);
+        asking(x, 2, 0, 2, 7);
         x.ticks(1);
         hows(x, 0, GOING, DONE, WAITING, WAITING);
+        asking(x, 2, 0, 7);
         x.ticks(1);
         hows(x, 0, DONE, DONE, GOING, WAITING);
         values(x, 0, 0, 2, 0);
+        asking(x, 0, 4);
+        asking(x, 1, 4);
+        asking(x, 2, 7);
+        readies(x, 0, 3);
         x.ticks(1);
         hows(x, 0, DONE, DONE, GOING, DONE);
         values(x, 0, 0, 2, 5);

@@ -71,6 +71,33 @@ final class Due {
         }
     }
 
+    /** A new object with a WORLD, and TRANS that arrived at its first SITE. */
+    AgreedInput with(String world, String... transes) {
+        AgreedInput x = new AgreedInput();
+        is("world() of " + world, world(x, world) >= 0, true);
+        for (int n = 0; n < transes.length; n++) {
+            is("submit() of " + transes[n], submit(x, 0, transes[n]), n);
+        }
+        return x;
+    }
+
+    void ticksTo(AgreedInput x, int tick) {
+        for (int i = 0; i < 20 && x.now(0) < tick; i++) {
+            x.ticks(Math.min(60, tick - x.now(0)));
+        }
+        is("the TICK", x.now(0), tick);
+    }
+
+    /** That a SENTENCE may be said of the ENTRIES at these places alone. */
+    void says(AgreedInput x, String sentence, int... places) {
+        is("sentence() of " + sentence, sentence(x, sentence) > 0, true);
+        is("said(NONE) of " + sentence, x.said(AgreedInput.NONE), places.length);
+        for (int i = 0; i < places.length; i++) {
+            is("said(" + i + ") of " + sentence, x.said(i), places[i]);
+        }
+        is("said() behind them of " + sentence, x.said(places.length), AgreedInput.NONE);
+    }
+
     boolean isWrong() {
         return wrong > 0;
     }
@@ -88,6 +115,10 @@ final class Due {
             n = n << 8 | (i < bytes.length ? bytes[i] & 255 : 0);
         }
         return n;
+    }
+
+    static String times(int n, String part) {
+        return part.repeat(n);
     }
 
     /** The tape is this text then. */

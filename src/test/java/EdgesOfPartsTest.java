@@ -10,15 +10,6 @@ public final class EdgesOfPartsTest {
     /** An EPOCH each TICK, one WORKER. */
     private static final String ONE = "site s;key a s 1;key b s 2;key c s 3;copy m 1 first;epoch 1;link 0;";
 
-    private static AgreedInput with(String world, String... transes) {
-        AgreedInput x = new AgreedInput();
-        due.is("world() of " + world, Due.world(x, world) >= 0, true);
-        for (int n = 0; n < transes.length; n++) {
-            due.is("submit() of " + transes[n], Due.submit(x, 0, transes[n]), n);
-        }
-        return x;
-    }
-
     private static void values(AgreedInput x, int c, int... wanted) {
         for (int k = 0; k < wanted.length; k++) {
             due.is("value(" + c + ", " + k + ")", x.value(c, k), wanted[k]);
@@ -39,13 +30,6 @@ public final class EdgesOfPartsTest {
         due.is("ready(" + c + ", " + wanted.length + ")", x.ready(c, wanted.length), NONE);
     }
 
-    private static void ticksTo(AgreedInput x, int tick) {
-        for (int i = 0; i < 20 && x.now(0) < tick; i++) {
-            x.ticks(Math.min(60, tick - x.now(0)));
-        }
-        due.is("the TICK", x.now(0), tick);
-    }
-
     private static String keys(int n, int first) {
         StringBuilder text = new StringBuilder("site s;");
         for (int k = 0; k < n; k++) {
@@ -57,13 +41,13 @@ public final class EdgesOfPartsTest {
     // ---- 'at' and what is FORESEEN
 
     private static void foreseesOf(int keys, int first, int key) {
-        AgreedInput x = with(keys(keys, first), "at ka = 5;");
+        AgreedInput x = due.with(keys(keys, first), "at ka = 5;");
         x.ticks(1);
         due.is("at " + first + " of " + keys, x.foreseen(0, 0), key);
     }
 
     private static void foreseesBelow0(int keys, int less, int key) {
-        AgreedInput x = with(keys(keys, 0), "ka = 0 - " + less + ";");
+        AgreedInput x = due.with(keys(keys, 0), "ka = 0 - " + less + ";");
         x.ticks(2);
         Due.submit(x, 0, "at ka = 5;");
         x.ticks(1);
@@ -98,7 +82,7 @@ public final class EdgesOfPartsTest {
 
     static void part2_atOfTheLeastAndTheGreatestInt() {
         String four = "a=a+a+a+a;";
-        AgreedInput x = with("site s;key a s 512;key b s 0;key c s 0;epoch 1;", four.repeat(5), four.repeat(6));
+        AgreedInput x = due.with("site s;key a s 512;key b s 0;key c s 0;epoch 1;", four.repeat(5), four.repeat(6));
         x.ticks(3);
         values(x, 0, Integer.MIN_VALUE);
         Due.submit(x, 0, "at a = 7;");
@@ -117,7 +101,7 @@ public final class EdgesOfPartsTest {
     }
 
     static void part2_foreseenIsByCopy0WhenItArrives() {
-        AgreedInput x = with("site s;key a s 1;key b s 7;key c s 7;copy m 1 first;copy n 2 last;epoch 1;", "b = 5;", "a = 2;");
+        AgreedInput x = due.with("site s;key a s 1;key b s 7;key c s 7;copy m 1 first;copy n 2 last;epoch 1;", "b = 5;", "a = 2;");
         x.ticks(2);
         values(x, 0, 1);
         values(x, 1, 2);
@@ -138,7 +122,7 @@ public final class EdgesOfPartsTest {
 
     private static void entryOf(String text, int reads, int writes, int wide) {
         // a is 1, so that at a is b; b and c are 2, so that at b and at c are c
-        AgreedInput x = with("site s;site t;key a s 1;key b s 2;key c t 2;epoch 1;link 0;", text);
+        AgreedInput x = due.with("site s;site t;key a s 1;key b s 2;key c t 2;epoch 1;link 0;", text);
         x.ticks(1);
         due.is("READS of " + text, x.entry(0, 2), reads);
         due.is("WRITES of " + text, x.entry(0, 3), writes);
@@ -194,7 +178,7 @@ public final class EdgesOfPartsTest {
 
     static void part2_eachEntryHasItsOwnForeseenKeys() {
         // at a is b, at b is c, at c is a
-        AgreedInput x = with("site s;key a s 1;key b s 2;key c s 3;epoch 1;", "need at a = 1;", "need at b = 1;", "need at c = 1;",
+        AgreedInput x = due.with("site s;key a s 1;key b s 2;key c s 3;epoch 1;", "need at a = 1;", "need at b = 1;", "need at c = 1;",
             "need at a = at b;", "need b = 1; need at c = 1;", "at c = 1; need at b = 1;");
         x.ticks(1);
         int[] reads = {3, 6, 5, 7, 7, 6};
@@ -223,7 +207,7 @@ public final class EdgesOfPartsTest {
     static void part2_epochEndsWhereTheNextTickIsDivided() {
         int[] epochs = {1, 2, 3, 19, 20};
         for (int epoch : epochs) {
-            AgreedInput x = with("site s;key a s 1;epoch " + epoch + ";", "a = 2;");
+            AgreedInput x = due.with("site s;key a s 1;epoch " + epoch + ";", "a = 2;");
             if (epoch > 1) {
                 x.ticks(epoch - 1);
                 due.is("none ahead of " + epoch, x.now(2), 0);
@@ -241,7 +225,7 @@ public final class EdgesOfPartsTest {
     }
 
     static void part2_epochGoesSiteBySiteAsTheyArrived() {
-        AgreedInput x = with("site s;site t;site u;key a s 1;epoch 2;");
+        AgreedInput x = due.with("site s;site t;site u;key a s 1;epoch 2;");
         int[] sites = {2, 1, 0, 2, 0, 1};
         for (int s : sites) {
             Due.submit(x, s, "a = 1;");
@@ -268,17 +252,9 @@ public final class EdgesOfPartsTest {
         due.is("asks(0, " + k + ", " + wanted.length + ")", x.asks(0, k, wanted.length), NONE);
     }
 
-    private static void says(AgreedInput x, String sentence, int... places) {
-        Due.sentence(x, sentence);
-        for (int i = 0; i < places.length; i++) {
-            due.is("said(" + i + ") of " + sentence, x.said(i), places[i]);
-        }
-        due.is("said(NONE) of " + sentence, x.said(NONE), places.length);
-    }
-
     /** The ORDER is 1, 3, 0, 2 of those that arrived. */
     private static AgreedInput notAsTheyArrived() {
-        AgreedInput x = with("site s;site t;key a s 1;key b t 2;key c t 0;copy m 1 first;epoch 3;link 2;");
+        AgreedInput x = due.with("site s;site t;key a s 1;key b t 2;key c t 0;copy m 1 first;epoch 3;link 2;");
         Due.submit(x, 1, "need at a < b;");
         Due.submit(x, 0, "a = at b;");
         Due.submit(x, 1, "c = 5;");
@@ -303,13 +279,13 @@ public final class EdgesOfPartsTest {
         asking(x, 1, 0, 4);
         asking(x, 2, 0, 2, 7);
         readies(x, 0, 0, 1);
-        says(x, "wide", 0, 2);
-        says(x, "reads c", 0, 1);
-        says(x, "writes c", 3);
-        says(x, "writes a", 0);
-        says(x, "from t", 2, 3);
-        says(x, "trans < 2", 0, 2);
-        says(x, "ready", 0, 1);
+        due.says(x, "wide", 0, 2);
+        due.says(x, "reads c", 0, 1);
+        due.says(x, "writes c", 3);
+        due.says(x, "writes a", 0);
+        due.says(x, "from t", 2, 3);
+        due.says(x, "trans < 2", 0, 2);
+        due.says(x, "ready", 0, 1);
     }
 
     static void part2_itGoesByTheOrder() {
@@ -338,12 +314,12 @@ public final class EdgesOfPartsTest {
         hows(x, 0, DONE, DONE, RETRIED, DONE);
         due.is("now(3)", x.now(3), 1);
         due.is("arrived(1, 0)", x.arrived(1, 0), 0);
-        says(x, "tries = 2", 2);
-        says(x, "tries = 1", 0, 1, 3);
-        says(x, "done", 0, 1, 3);
-        says(x, "retried", 2);
-        says(x, "place < 2", 0, 1);
-        says(x, "place = 2 and trans = 0 or place = 3 and writes c", 2, 3);
+        due.says(x, "tries = 2", 2);
+        due.says(x, "tries = 1", 0, 1, 3);
+        due.says(x, "done", 0, 1, 3);
+        due.says(x, "retried", 2);
+        due.says(x, "place < 2", 0, 1);
+        due.says(x, "place = 2 and trans = 0 or place = 3 and writes c", 2, 3);
         x.ticks(1);
         due.is("entry(4, 0)", x.entry(4, 0), 0);
         due.is("foreseen(4, 0)", x.foreseen(4, 0), 0);
@@ -353,7 +329,7 @@ public final class EdgesOfPartsTest {
 
     /** 24 TRANS, of which so many are RETRIED once, so that there are 24 ENTRIES and so many. */
     private static AgreedInput retriedOnce(int number) {
-        AgreedInput x = with("site s;key i s 0;key j s 0;copy m 4 first;epoch 1;link 0;", "i = 1;", "need at i = 0;", "need j = 0;");
+        AgreedInput x = due.with("site s;key i s 0;key j s 0;copy m 4 first;epoch 1;link 0;", "i = 1;", "need at i = 0;", "need j = 0;");
         for (int n = 3; n < 24; n++) {
             x.put(0, n < number + 2 ? 1 : 2);
         }
@@ -379,7 +355,7 @@ public final class EdgesOfPartsTest {
 
     static void part2_theOthersStaySiteBySite() {
         // the one of SITE 1 is RETRIED ahead of 16 of SITE 0, but there is room for these alone
-        AgreedInput x = with("site s;site t;key i s 0;key j s 0;copy m 4 last;epoch 20;link 0;", "i = 1;");
+        AgreedInput x = due.with("site s;site t;key i s 0;key j s 0;copy m 4 last;epoch 20;link 0;", "i = 1;");
         Due.submit(x, 1, "need at i = 0;");
         for (int n = 2; n < 18; n++) {
             x.put(0, 1);
@@ -404,7 +380,7 @@ public final class EdgesOfPartsTest {
     // ---- who has a KEY
 
     static void part2_aKeyIsHadIfNobodyIsAheadOrAllRead() {
-        AgreedInput x = with(ONE, "need a = 1;", "b = a;", "a = 2;", "need a = 2;", "a = 3;", "c = b;");
+        AgreedInput x = due.with(ONE, "need a = 1;", "b = a;", "a = 2;", "need a = 2;", "a = 3;", "c = b;");
         x.ticks(1);
         int[] asking = {0, 2, 5, 6, 9, NONE};
         for (int i = 0; i < asking.length; i++) {
@@ -431,7 +407,7 @@ public final class EdgesOfPartsTest {
     // ---- EXECUTED
 
     static void part2_retriedArrivesOnceMoreOfCopy0Alone() {
-        AgreedInput x = with("site s;key i s 1;key j s 20;key k s 30;copy m 1 first;copy n 4 first;epoch 1;", "k = 1;", "i = 2;", "at i = 5;");
+        AgreedInput x = due.with("site s;key i s 1;key j s 20;key k s 30;copy m 1 first;copy n 4 first;epoch 1;", "k = 1;", "i = 2;", "at i = 5;");
         x.ticks(3);
         hows(x, 1, DONE, DONE, RETRIED);
         hows(x, 0, DONE, DONE, WAITING);
@@ -454,7 +430,7 @@ public final class EdgesOfPartsTest {
     }
 
     static void part2_eachEntryMayBeRetriedOnce() {
-        AgreedInput x = with("site s;site t;key i s 1;key j s 20;key k s 30;copy m 1 first;epoch 4;", "i = 2;");
+        AgreedInput x = due.with("site s;site t;key i s 1;key j s 20;key k s 30;copy m 1 first;epoch 4;", "i = 2;");
         Due.submit(x, 1, "at i = 5;");
         x.ticks(6);
         hows(x, 0, DONE, RETRIED);
@@ -469,7 +445,7 @@ public final class EdgesOfPartsTest {
     }
 
     static void part2_whoWasRetriedArrivesNoMoreBehindACrash() {
-        AgreedInput x = with("site s;key i s 1;key j s 20;key k s 30;copy m 1 first;epoch 1;link 0;", "i = 2;", "at i = 5;");
+        AgreedInput x = due.with("site s;key i s 1;key j s 20;key k s 30;copy m 1 first;epoch 1;link 0;", "i = 2;", "at i = 5;");
         x.ticks(4);
         hows(x, 0, DONE, RETRIED, DONE);
         // the numbers of a TRANS and of its ENTRY, as it arrived, are not the same any more
@@ -492,7 +468,7 @@ public final class EdgesOfPartsTest {
 
     static void part2_anAtIsTheOneThatWasForeseen() {
         // the STEP ahead makes the index another one, but what counts are VALUES ahead of the ENTRY
-        AgreedInput x = with(ONE, "a = 2; at a = 50; c = at a;");
+        AgreedInput x = due.with(ONE, "a = 2; at a = 50; c = at a;");
         x.ticks(2);
         hows(x, 0, DONE);
         values(x, 0, 2, 50, 50);
@@ -500,7 +476,7 @@ public final class EdgesOfPartsTest {
 
     static void part2_allAreIntsWrapping() {
         String four = "a=a+a+a+a;";
-        AgreedInput x = with("site s;key a s 512;key b s 0;epoch 1;", four.repeat(5), four.repeat(5) + "a=a+a-1;", "a = a + 1;",
+        AgreedInput x = due.with("site s;key a s 512;key b s 0;epoch 1;", four.repeat(5), four.repeat(5) + "a=a+a-1;", "a = a + 1;",
             "a = a - 1;", "b = 0 - a - 2;", "b = b - 1;");
         x.ticks(2);
         values(x, 0, 1 << 19);
@@ -522,7 +498,7 @@ public final class EdgesOfPartsTest {
     }
 
     private static void need(int a, String sign, int term, boolean isSo) {
-        AgreedInput x = with("site s;key a s " + a + ";key b s " + term + ";epoch 1;", "need a " + sign + " b;",
+        AgreedInput x = due.with("site s;key a s " + a + ";key b s " + term + ";epoch 1;", "need a " + sign + " b;",
             "need a " + sign + " " + term + ";");
         x.ticks(3);
         int how = isSo ? DONE : STOPPED;
@@ -540,13 +516,13 @@ public final class EdgesOfPartsTest {
         need(5, ">", 5, false);
         need(5, ">", 6, false);
         // below 0
-        AgreedInput x = with(ONE, "a = 0 - 1;", "need a < 0;", "need a > 0;", "b = 0 - 2; need b < a;");
+        AgreedInput x = due.with(ONE, "a = 0 - 1;", "need a < 0;", "need a > 0;", "b = 0 - 2; need b < a;");
         x.ticks(5);
         hows(x, 0, DONE, DONE, STOPPED, DONE);
     }
 
     static void part2_nothingOfAStoppedOneIsWritten() {
-        AgreedInput x = with(ONE, "a = 9; b = 9; need a = 8; c = 9;", "a = 9; b = 9; c = 9; need a < 9;", "need a > 1; a = 9;", "need a = 1;");
+        AgreedInput x = due.with(ONE, "a = 9; b = 9; need a = 8; c = 9;", "a = 9; b = 9; c = 9; need a < 9;", "need a > 1; a = 9;", "need a = 1;");
         x.ticks(4);
         hows(x, 0, STOPPED, STOPPED, STOPPED, WAITING);
         values(x, 0, 1, 2, 3);
@@ -556,7 +532,7 @@ public final class EdgesOfPartsTest {
     }
 
     static void part2_whatStepsGaveGoesAheadOfValues() {
-        AgreedInput x = with(ONE, "a = 9; b = a + 1; need b = 10; a = b; c = a + b; need a = 10;");
+        AgreedInput x = due.with(ONE, "a = 9; b = a + 1; need b = 10; a = b; c = a + b; need a = 10;");
         x.ticks(2);
         hows(x, 0, DONE);
         values(x, 0, 10, 10, 20);
@@ -565,9 +541,9 @@ public final class EdgesOfPartsTest {
     // ---- a TICK
 
     static void part2_ticksAre0To999() {
-        AgreedInput x = with(ONE);
+        AgreedInput x = due.with(ONE);
         due.is("TICK 0", x.now(0), 0);
-        ticksTo(x, 999);
+        due.ticksTo(x, 999);
         Due.submit(x, 0, "a = 5;");
         due.is("the last one", x.ticks(1), 1);
         due.is("now(0)", x.now(0), 1000);
@@ -583,8 +559,8 @@ public final class EdgesOfPartsTest {
     static void part2_anEpochEndsAtTick1000IfItIsDivided() {
         int[][] wanted = {{20, 1}, {8, 1}, {3, 0}, {19, 0}};
         for (int[] w : wanted) {
-            AgreedInput x = with("site s;key a s 1;epoch " + w[0] + ";");
-            ticksTo(x, 999);
+            AgreedInput x = due.with("site s;key a s 1;epoch " + w[0] + ";");
+            due.ticksTo(x, 999);
             Due.submit(x, 0, "a = 5;");
             x.ticks(1);
             due.is("ENTRIES at TICK 1000 by " + w[0], x.now(2), w[1]);
@@ -593,7 +569,7 @@ public final class EdgesOfPartsTest {
 
     static void part2_wideOnesGoForLinkTicks() {
         for (int link = 0; link <= 9; link++) {
-            AgreedInput x = with("site s;site t;key a s 1;key b t 2;epoch 1;link " + link + ";", "a = b;");
+            AgreedInput x = due.with("site s;site t;key a s 1;key b t 2;epoch 1;link " + link + ";", "a = b;");
             due.is("over() with 'link' " + link, x.over(), 2 + link);
             x.ticks(1);
             hows(x, 0, WAITING);
@@ -611,13 +587,13 @@ public final class EdgesOfPartsTest {
             }
             values(x, 0, 2);
         }
-        AgreedInput y = with("site s;site t;key a s 1;key b t 2;epoch 1;link 9;", "a = 3;");
+        AgreedInput y = due.with("site s;site t;key a s 1;key b t 2;epoch 1;link 9;", "a = 3;");
         y.ticks(2);
         hows(y, 0, DONE);
     }
 
     private static void taken(String copy, int... done) {
-        AgreedInput x = with(keys(5, 0) + "copy m " + copy + ";", "ka = 1;", "kb = 1;", "kc = 1;", "kd = 1;", "ke = 1;");
+        AgreedInput x = due.with(keys(5, 0) + "copy m " + copy + ";", "ka = 1;", "kb = 1;", "kc = 1;", "kd = 1;", "ke = 1;");
         x.ticks(2);
         hows(x, 0, done);
     }
@@ -632,7 +608,7 @@ public final class EdgesOfPartsTest {
         taken("3 last", 0, 0, 2, 2, 2);
         taken("4 last", 0, 2, 2, 2, 2);
         // fewer are READY than there are WORKERS
-        AgreedInput x = with("site s;key a s 1;key b s 2;copy m 4 last;epoch 1;", "a = 3;", "a = 4;", "b = 5;");
+        AgreedInput x = due.with("site s;key a s 1;key b s 2;copy m 4 last;epoch 1;", "a = 3;", "a = 4;", "b = 5;");
         x.ticks(2);
         hows(x, 0, DONE, WAITING, DONE);
     }
@@ -640,7 +616,7 @@ public final class EdgesOfPartsTest {
     static void part2_theFirstOneFirstOrTheLastOneFirst() {
         String[] orders = {"first", "last"};
         for (String order : orders) {
-            AgreedInput x = with("site s;key i s 0;key j s 0;copy m 2 " + order + ";epoch 3;", "i = 1;", "need at i = 0;", "need at i = 0;");
+            AgreedInput x = due.with("site s;key i s 0;key j s 0;copy m 2 " + order + ";epoch 3;", "i = 1;", "need at i = 0;", "need at i = 0;");
             x.ticks(5);
             hows(x, 0, DONE, RETRIED, RETRIED);
             due.is(order + " arrived first", x.arrived(0, 0), order.equals("first") ? 1 : 2);
@@ -649,7 +625,7 @@ public final class EdgesOfPartsTest {
     }
 
     static void part2_readyNowIsBehindThoseWhoWentAheadOfThoseTaken() {
-        AgreedInput x = with("site s;site t;key a s 1;key b t 2;copy m 4 first;epoch 1;link 2;", "a = b;", "a = 5;", "a = 6;");
+        AgreedInput x = due.with("site s;site t;key a s 1;key b t 2;copy m 4 first;epoch 1;link 2;", "a = b;", "a = 5;", "a = 6;");
         x.ticks(3);
         hows(x, 0, GOING, WAITING, WAITING);
         x.ticks(1);
@@ -660,7 +636,7 @@ public final class EdgesOfPartsTest {
     }
 
     static void part2_whoIsGoingTakesNoWorkerAnyMore() {
-        AgreedInput x = with("site s;site t;key a s 1;key b s 2;key c t 3;copy m 1 first;epoch 1;link 9;", "a = c;", "b = c;");
+        AgreedInput x = due.with("site s;site t;key a s 1;key b s 2;key c t 3;copy m 1 first;epoch 1;link 9;", "a = c;", "b = c;");
         x.ticks(2);
         hows(x, 0, GOING, WAITING);
         x.ticks(1);
@@ -676,7 +652,7 @@ public final class EdgesOfPartsTest {
     static void part2_aCheckTakesAKeyATickAndIsOverWithTheLast() {
         int[] numbers = {1, 2, 10};
         for (int keys : numbers) {
-            AgreedInput x = with(keys(keys, 7));
+            AgreedInput x = due.with(keys(keys, 7));
             x.check();
             due.is("none TAKEN at first", x.now(6), 0);
             for (int k = 1; k < keys; k++) {
@@ -695,7 +671,7 @@ public final class EdgesOfPartsTest {
     }
 
     static void part2_aCheckAwaitsAllAheadOfItsPointInCopy0() {
-        AgreedInput x = with("site s;key a s 1;key b s 2;copy m 1 first;copy n 4 first;epoch 1;", "a = 5;", "a = 6;", "a = 7;");
+        AgreedInput x = due.with("site s;key a s 1;key b s 2;copy m 1 first;copy n 4 first;epoch 1;", "a = 5;", "a = 6;", "a = 7;");
         x.ticks(1);
         x.check();
         due.is("POINT", x.now(5), 3);
@@ -715,7 +691,7 @@ public final class EdgesOfPartsTest {
     }
 
     static void part2_whoIsGoingAheadOfThePointIsAwaited() {
-        AgreedInput x = with("site s;site t;key a s 1;key b t 2;epoch 1;link 2;", "a = b;");
+        AgreedInput x = due.with("site s;site t;key a s 1;key b t 2;epoch 1;link 2;", "a = b;");
         x.ticks(1);
         x.check();
         x.ticks(2);
@@ -727,7 +703,7 @@ public final class EdgesOfPartsTest {
     }
 
     static void part2_aTwinIsOfAWriteThatIsNotAheadOfThePoint() {
-        AgreedInput x = with(ONE, "a = 10;");
+        AgreedInput x = due.with(ONE, "a = 10;");
         x.ticks(1);
         x.check();
         due.is("POINT", x.now(5), 1);
@@ -757,7 +733,7 @@ public final class EdgesOfPartsTest {
     }
 
     static void part2_aTwinStaysWhenItIsWrittenOnceMore() {
-        AgreedInput x = with(keys(4, 7), "kd = 1;", "kd = 2;");
+        AgreedInput x = due.with(keys(4, 7), "kd = 1;", "kd = 2;");
         x.check();
         x.ticks(2);
         due.is("key(3, 3)", x.key(3, 3), 7);
@@ -771,7 +747,7 @@ public final class EdgesOfPartsTest {
 
     static void part2_noTwinOfWhatIsNotWritten() {
         // STOPPED, RETRIED, of COPY 1 alone
-        AgreedInput x = with(keys(6, 1) + "copy m 1 first;copy n 4 last;", "kf = 9; need ka = 0;", "kd = 0;", "ke = 9;", "ka = 0;");
+        AgreedInput x = due.with(keys(6, 1) + "copy m 1 first;copy n 4 last;", "kf = 9; need ka = 0;", "kd = 0;", "ke = 9;", "ka = 0;");
         x.check();
         x.ticks(2);
         hows(x, 0, STOPPED, WAITING, WAITING, WAITING);
@@ -781,7 +757,7 @@ public final class EdgesOfPartsTest {
         due.is("kd has one", x.now(7), 8);
         x.ticks(1);
         due.is("ke has one", x.now(7), 24);
-        AgreedInput y = with("site s;key a s 1;key b s 2;key c s 3;key d s 4;epoch 1;", "a = 2;", "at a = 9;");
+        AgreedInput y = due.with("site s;key a s 1;key b s 2;key c s 3;key d s 4;epoch 1;", "a = 2;", "at a = 9;");
         y.ticks(1);
         y.ticks(1);
         y.check();
@@ -791,7 +767,7 @@ public final class EdgesOfPartsTest {
     }
 
     static void part2_aTwinIsAlsoOfAWriteOfTheSameValue() {
-        AgreedInput x = with(keys(3, 7), "kc = 7;");
+        AgreedInput x = due.with(keys(3, 7), "kc = 7;");
         x.check();
         x.ticks(2);
         due.is("now(7)", x.now(7), 4);
@@ -799,7 +775,7 @@ public final class EdgesOfPartsTest {
     }
 
     static void part2_aCheckThatIsOnIsWhyNot() {
-        AgreedInput x = with(ONE, "a = 5;");
+        AgreedInput x = due.with(ONE, "a = 5;");
         due.is("check()", x.check(), 0);
         x.ticks(2);
         String ahead = Look.of(x);
@@ -809,14 +785,14 @@ public final class EdgesOfPartsTest {
     }
 
     static void part2_aCheckWithoutKeysIsTheCheckpointAtOnce() {
-        AgreedInput x = with("site s;epoch 1;");
+        AgreedInput x = due.with("site s;epoch 1;");
         for (int i = 0; i < 2; i++) {
             due.is("check()", x.check(), 0);
             due.is("now(4)", x.now(4), 0);
             due.is("now(5)", x.now(5), NONE);
             due.is("now(8)", x.now(8), 0);
         }
-        AgreedInput y = with(keys(1, 7));
+        AgreedInput y = due.with(keys(1, 7));
         y.check();
         due.is("with one it is not", y.now(4), 1);
     }
@@ -824,7 +800,7 @@ public final class EdgesOfPartsTest {
     // ---- CRASHES
 
     static void part2_aCrashNeedsAnEntryOfTheOrder() {
-        AgreedInput x = with("site s;key a s 1;epoch 2;", "a = 5;");
+        AgreedInput x = due.with("site s;key a s 1;epoch 2;", "a = 5;");
         due.is("none", x.crash(0), 1);
         x.ticks(1);
         String ahead = Look.of(x);
@@ -835,7 +811,7 @@ public final class EdgesOfPartsTest {
     }
 
     static void part2_aCrashAheadOfACheckpointGoesBackToTheBeginning() {
-        AgreedInput x = with(ONE, "a = 5;", "b = 6;");
+        AgreedInput x = due.with(ONE, "a = 5;", "b = 6;");
         x.ticks(3);
         values(x, 0, 5, 6, 3);
         due.is("crash(0)", x.crash(0), 0);
@@ -848,7 +824,7 @@ public final class EdgesOfPartsTest {
     }
 
     static void part2_entriesAheadOfThePointWentAsInCopy0() {
-        AgreedInput x = with("site s;key i s 1;key j s 20;key k s 30;copy m 4 first;copy n 1 first;epoch 1;", "i = 2;", "at i = 5;", "need k = 0;");
+        AgreedInput x = due.with("site s;key i s 1;key j s 20;key k s 30;copy m 4 first;copy n 1 first;epoch 1;", "i = 2;", "at i = 5;", "need k = 0;");
         // COPY 0: DONE, RETRIED, STOPPED; the one RETRIED goes anew behind them
         x.ticks(2);
         x.check();
@@ -871,7 +847,7 @@ public final class EdgesOfPartsTest {
     }
 
     static void part2_aCrashedCopyMayComeToBeAheadByACheckpoint() {
-        AgreedInput x = with("site s;key a s 1;key b s 2;copy m 4 first;copy n 1 first;epoch 1;", "a = 5;", "need a = 1;", "b = 6;", "b = 7;");
+        AgreedInput x = due.with("site s;key a s 1;key b s 2;copy m 4 first;copy n 1 first;epoch 1;", "a = 5;", "need a = 1;", "b = 6;", "b = 7;");
         x.ticks(1);
         x.check();
         x.ticks(3);
@@ -885,7 +861,7 @@ public final class EdgesOfPartsTest {
     }
 
     static void part2_aCrashOfCopy0GivesUpACheck() {
-        AgreedInput x = with(ONE, "a = 5;");
+        AgreedInput x = due.with(ONE, "a = 5;");
         x.ticks(2);
         x.check();
         x.ticks(1);
@@ -903,7 +879,7 @@ public final class EdgesOfPartsTest {
     }
 
     static void part2_aCrashOfAnotherCopyLeavesACheck() {
-        AgreedInput x = with(ONE + "copy n 1 first;", "a = 5;", "c = 6;");
+        AgreedInput x = due.with(ONE + "copy n 1 first;", "a = 5;", "c = 6;");
         x.ticks(2);
         x.check();
         due.is("POINT", x.now(5), 2);
@@ -915,7 +891,7 @@ public final class EdgesOfPartsTest {
 
     static void part2_aCrashAheadOfThePointOfACheckThatIsOn() {
         // what counts is the CHECKPOINT, not the CHECK that is on
-        AgreedInput x = with(ONE + "copy n 1 first;", "a = 5;");
+        AgreedInput x = due.with(ONE + "copy n 1 first;", "a = 5;");
         x.ticks(2);
         x.check();
         x.ticks(2);
@@ -931,7 +907,7 @@ public final class EdgesOfPartsTest {
     }
 
     static void part2_whoWasGoingWaitsBehindACrash() {
-        AgreedInput x = with("site s;site t;key a s 1;key b t 2;epoch 1;link 3;", "a = b;");
+        AgreedInput x = due.with("site s;site t;key a s 1;key b t 2;epoch 1;link 3;", "a = b;");
         x.ticks(4);
         hows(x, 0, GOING);
         x.crash(0);
@@ -948,7 +924,7 @@ public final class EdgesOfPartsTest {
     // ---- PUT
 
     static void part2_aPutNeedsLessThan24Trans() {
-        AgreedInput x = with("site s;site t;key a s 1;key b s 2;epoch 20;", "at a = b + 1; need a < 9; b = 3;");
+        AgreedInput x = due.with("site s;site t;key a s 1;key b s 2;epoch 20;", "at a = b + 1; need a < 9; b = 3;");
         for (int n = 1; n < 23; n++) {
             due.is("put()", x.put(n % 2, 0), 0);
         }
@@ -968,7 +944,7 @@ public final class EdgesOfPartsTest {
     // ---- SERIAL, SAME, CONFLICTS, CHAIN, LEAST
 
     static void part3_serialIsFromValuesAsToldOn() {
-        AgreedInput x = with(ONE);
+        AgreedInput x = due.with(ONE);
         for (int k = 0; k < 3; k++) {
             due.is("without ENTRIES", x.serial(k), k + 1);
         }
@@ -986,7 +962,7 @@ public final class EdgesOfPartsTest {
     }
 
     static void part3_serialOfOneThatIsRetriedGivesNothing() {
-        AgreedInput x = with(ONE, "a = 2;", "at a = 50;");
+        AgreedInput x = due.with(ONE, "a = 2;", "at a = 50;");
         x.ticks(1);
         int[] wanted = {2, 2, 3};
         for (int k = 0; k < 3; k++) {
@@ -997,7 +973,7 @@ public final class EdgesOfPartsTest {
     }
 
     static void part3_sameIsAllExecutedInAllCopies() {
-        AgreedInput x = with(ONE + "copy n 2 first;");
+        AgreedInput x = due.with(ONE + "copy n 2 first;");
         due.is("without ENTRIES", x.same(), 1);
         Due.submit(x, 0, "a = 5;");
         Due.submit(x, 0, "b = 5;");
@@ -1015,7 +991,7 @@ public final class EdgesOfPartsTest {
     }
 
     private static void conflict(String first, String second, int number) {
-        AgreedInput x = with(ONE, first, second);
+        AgreedInput x = due.with(ONE, first, second);
         x.ticks(1);
         due.is(first + " and " + second, x.entry(1, 5), number);
         due.is("chain() of " + first + " and " + second, x.chain(), number + 1);
@@ -1035,7 +1011,7 @@ public final class EdgesOfPartsTest {
     }
 
     static void part3_chainIsTheLongestRow() {
-        AgreedInput x = with(ONE);
+        AgreedInput x = due.with(ONE);
         due.is("without any", x.chain(), 0);
         Due.submit(x, 0, "a = 1;");
         due.is("none in the ORDER", x.chain(), 0);
@@ -1054,7 +1030,7 @@ public final class EdgesOfPartsTest {
     }
 
     static void part3_chainOf40() {
-        AgreedInput x = with("site s;key i s 0;key j s 0;copy m 4 first;epoch 1;link 0;", "i = 1 - i; at i = at i;");
+        AgreedInput x = due.with("site s;key i s 0;key j s 0;copy m 4 first;epoch 1;link 0;", "i = 1 - i; at i = at i;");
         for (int n = 1; n < 24; n++) {
             x.put(0, 0);
         }
@@ -1069,7 +1045,7 @@ public final class EdgesOfPartsTest {
     static void part3_leastCountsWideOnesWithLink() {
         for (int link = 0; link <= 9; link++) {
             String world = "site s;site t;key a s 1;key b t 2;key c s 3;epoch 1;link " + link + ";";
-            AgreedInput x = with(world);
+            AgreedInput x = due.with(world);
             due.is("without any", x.least(), 0);
             Due.submit(x, 0, "a = b;");
             due.is("none in the ORDER", x.least(), 0);
@@ -1087,7 +1063,7 @@ public final class EdgesOfPartsTest {
 
     static void part3_leastMayBeOfAShorterRow() {
         // one WIDE one of 10, three of one SITE
-        AgreedInput x = with("site s;site t;key a s 1;key b t 2;key c s 3;epoch 1;link 9;", "a = b;", "c = 1;", "c = 2;", "c = 3;");
+        AgreedInput x = due.with("site s;site t;key a s 1;key b t 2;key c s 3;epoch 1;link 9;", "a = b;", "c = 1;", "c = 2;", "c = 3;");
         x.ticks(1);
         due.is("chain()", x.chain(), 3);
         due.is("least()", x.least(), 10);
@@ -1096,7 +1072,7 @@ public final class EdgesOfPartsTest {
     // ---- OVER
 
     static void part3_overIs0WhereAllIsExecuted() {
-        AgreedInput x = with("site s;key a s 1;copy m 1 first;copy n 1 first;epoch 3;");
+        AgreedInput x = due.with("site s;key a s 1;copy m 1 first;copy n 1 first;epoch 3;");
         due.is("nothing has arrived", x.over(), 0);
         Due.submit(x, 0, "a = 5;");
         due.is("it is not in the ORDER", x.over(), 4);
@@ -1110,7 +1086,7 @@ public final class EdgesOfPartsTest {
     }
 
     static void part3_overNeedsWhatArrivesAnew() {
-        AgreedInput x = with("site s;key i s 1;key j s 2;key k s 3;epoch 5;", "i = 2;", "at i = 50;");
+        AgreedInput x = due.with("site s;key i s 1;key j s 2;key k s 3;epoch 5;", "i = 2;", "at i = 50;");
         // 5 TICKS, 2 are EXECUTED; 3 more till the EPOCH ends, and one
         due.is("over()", x.over(), 11);
         x.ticks(7);
@@ -1119,8 +1095,8 @@ public final class EdgesOfPartsTest {
     }
 
     static void part3_overDoesNotMindTick1000() {
-        AgreedInput x = with("site s;site t;key a s 1;key b t 2;epoch 7;link 9;");
-        ticksTo(x, 1000);
+        AgreedInput x = due.with("site s;site t;key a s 1;key b t 2;epoch 7;link 9;");
+        due.ticksTo(x, 1000);
         due.is("nothing", x.over(), 0);
         Due.submit(x, 0, "a = b;");
         // the EPOCH ends at 1001, then it is taken and goes
@@ -1131,7 +1107,7 @@ public final class EdgesOfPartsTest {
     // ---- SO, ASK
 
     static void part3_soTakes1To6Pairs() {
-        AgreedInput x = with(ONE);
+        AgreedInput x = due.with(ONE);
         due.is("none", Due.so(x), NONE);
         due.is("half of one", Due.so(x, 0), NONE);
         due.is("1", Due.so(x, 0, 1), 1);
@@ -1148,7 +1124,7 @@ public final class EdgesOfPartsTest {
     }
 
     static void part3_soIsBehind0ToAllEntries() {
-        AgreedInput x = with(ONE);
+        AgreedInput x = due.with(ONE);
         due.is("behind 0 of 0", Due.so(x, 0, 1), 1);
         due.is("soAt(0)", x.soAt(0), 0);
         for (int n = 0; n < 3; n++) {
@@ -1166,7 +1142,7 @@ public final class EdgesOfPartsTest {
     }
 
     static void part3_soValuesAreBytes0To255() {
-        AgreedInput x = with("site s;key a s 0;epoch 1;", "a = 255;", "a = 256;", "a = 0 - 1;", "a = 511;", "a = 0 - 256;");
+        AgreedInput x = due.with("site s;key a s 0;epoch 1;", "a = 255;", "a = 256;", "a = 0 - 1;", "a = 511;", "a = 0 - 256;");
         x.ticks(1);
         due.is("0: behind 0 alone", Due.so(x, 0, 0), 1);
         due.is("soAt(0)", x.soAt(0), 0);
@@ -1176,7 +1152,7 @@ public final class EdgesOfPartsTest {
     }
 
     static void part3_askIsTheFirstOfLikeOnes() {
-        AgreedInput x = with(ONE);
+        AgreedInput x = due.with(ONE);
         Due.so(x, 0, 1);
         due.is("of one number all KEYS are like", x.ask(), 0);
         Due.submit(x, 0, "b = 9; c = 9;");
@@ -1206,7 +1182,7 @@ public final class EdgesOfPartsTest {
         for (int k = 0; k < 10; k++) {
             text.append("key k").append((char) ('a' + k)).append(' ').append("stu".charAt(k % 3)).append(' ').append(10 * k).append(';');
         }
-        return with(text.append("copy m 1 first;copy n 4 last;copy o 2 last;epoch 1;link 1;").toString());
+        return due.with(text.append("copy m 1 first;copy n 4 last;copy o 2 last;epoch 1;link 1;").toString());
     }
 
     static void part2_worldOf10KeysAnd3Copies() {
@@ -1288,7 +1264,7 @@ public final class EdgesOfPartsTest {
         due.is("all that there may be", Due.so(x, 9, 92, 8, 80, 7, 70, 2, 20, 1, 10, 0, 0), 1);
         due.is("soAt(0)", x.soAt(0), 2);
         due.is("there is no KEY 10", Due.so(x, 10, 0), NONE);
-        AgreedInput y = with(keys(10, 1), "ka = ka;", "kj = kj;");
+        AgreedInput y = due.with(keys(10, 1), "ka = ka;", "kj = kj;");
         y.ticks(1);
         due.is("all KEYS have one VALUE", Due.so(y, 0, 1), 3);
         due.is("the first of like ones", y.ask(), 0);
@@ -1349,7 +1325,7 @@ public final class EdgesOfPartsTest {
                 continue;
             }
             kinds[first]++;
-            AgreedInput x = with(keys(4, 1));
+            AgreedInput x = due.with(keys(4, 1));
             due.is("drawn(2, " + seed + ")", x.drawn(2, seed), 2);
             due.is("a CHECK in the second TICK alone, " + seed, x.now(6), second == 3 ? 1 : 0);
             AgreedInput none = new AgreedInput();
@@ -1363,7 +1339,7 @@ public final class EdgesOfPartsTest {
     static void part3_drawnPutsOfAllSitesAndTrans() {
         int[] seen = new int[2];
         for (int seed = 0; seed < 60; seed++) {
-            AgreedInput x = with("site s;site t;site u;key a s 1;epoch 20;", "a = 1;", "a = 2; a = 3;");
+            AgreedInput x = due.with("site s;site t;site u;key a s 1;epoch 20;", "a = 1;", "a = 2; a = 3;");
             x.drawn(1, seed);
             int one = next(seed);
             int kind = draw(one, 6);
@@ -1381,7 +1357,7 @@ public final class EdgesOfPartsTest {
         // 24 TRANS, none in the ORDER, a CHECK that is on: nothing can be, but all draws are made
         int seen = 0;
         for (int seed = 0; seed < 60; seed++) {
-            AgreedInput x = with(keys(10, 1).replace("epoch 1", "epoch 20"), "ka = 1;");
+            AgreedInput x = due.with(keys(10, 1).replace("epoch 1", "epoch 20"), "ka = 1;");
             for (int n = 1; n < 24; n++) {
                 x.put(0, 0);
             }
@@ -1406,7 +1382,7 @@ public final class EdgesOfPartsTest {
             if (draw(one, 6) != 2) {
                 continue;
             }
-            AgreedInput x = with("site s;key a s 1;copy m 1 first;copy n 1 first;copy o 1 first;epoch 1;", "a = 5;", "a = 6;");
+            AgreedInput x = due.with("site s;key a s 1;copy m 1 first;copy n 1 first;copy o 1 first;epoch 1;", "a = 5;", "a = 6;");
             x.ticks(3);
             x.drawn(1, seed);
             int copy = draw(next(one), 3);
@@ -1424,7 +1400,7 @@ public final class EdgesOfPartsTest {
     static void part3_drawnSeedsWrap() {
         int[] seeds = {Integer.MAX_VALUE, Integer.MIN_VALUE, -1, 0, 1};
         for (int seed : seeds) {
-            AgreedInput x = with(keys(3, 1), "ka = ka + 1;");
+            AgreedInput x = due.with(keys(3, 1), "ka = ka + 1;");
             due.is("drawn(10, " + seed + ")", x.drawn(10, seed), 10);
             int trans = 1;
             int now = seed;
@@ -1445,7 +1421,7 @@ public final class EdgesOfPartsTest {
     // ---- a new WORLD
 
     static void part3_aNewWorldBeginsAnew() {
-        AgreedInput x = with(ONE + "copy n 1 first;", "a = 9;", "b = 9;");
+        AgreedInput x = due.with(ONE + "copy n 1 first;", "a = 9;", "b = 9;");
         x.ticks(2);
         x.check();
         x.ticks(3);
@@ -1455,7 +1431,7 @@ public final class EdgesOfPartsTest {
         Due.book(x, 0, "tick 1;check;");
         due.is("so much is so", x.now(8), 2);
         due.is("world()", Due.world(x, ONE), 7);
-        AgreedInput fresh = with(ONE);
+        AgreedInput fresh = due.with(ONE);
         Due.so(fresh, 1, 2);
         int[] told = {11, 1, 6, 2};
         for (int what = 0; what < 4; what++) {

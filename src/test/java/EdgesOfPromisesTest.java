@@ -10,18 +10,9 @@ public final class EdgesOfPromisesTest {
     private static final String TWO = "site s;site t;key a s 1;key b t 2;key c t 4;copy m 1 first;copy n 2 last;epoch 2;link 1;";
     private static final String ONE = "site s;key a s 1;key b s 2;key c s 3;copy m 1 first;epoch 1;link 0;";
 
-    private static AgreedInput with(String world, String... transes) {
-        AgreedInput x = new AgreedInput();
-        due.is("world() of " + world, Due.world(x, world) >= 0, true);
-        for (int n = 0; n < transes.length; n++) {
-            due.is("submit() of " + transes[n], Due.submit(x, 0, transes[n]), n);
-        }
-        return x;
-    }
-
     /** TWO with 3 TRANS, 2 of them in the ORDER, a CHECK, a SENTENCE, an image, much that was told, and a tape. */
     private static AgreedInput busy() {
-        AgreedInput x = with(TWO, "a = at a + c;", "need b < 9; b = b + 1;");
+        AgreedInput x = due.with(TWO, "a = at a + c;", "need b < 9; b = b + 1;");
         x.ticks(3);
         x.check();
         x.put(1, 0);
@@ -74,13 +65,6 @@ public final class EdgesOfPromisesTest {
         }
     }
 
-    private static void ticksTo(AgreedInput x, int tick) {
-        for (int i = 0; i < 20 && x.now(0) < tick; i++) {
-            x.ticks(Math.min(60, tick - x.now(0)));
-        }
-        due.is("the TICK", x.now(0), tick);
-    }
-
     // ---- 1 to 5
 
     static void promise01_aNewObjectHasNoSitesAndAnEmptyTape() {
@@ -113,7 +97,7 @@ public final class EdgesOfPromisesTest {
             due.is("ticks(1), call " + call, x.ticks(1), 1);
         }
         due.is("now(0), call 512", x.now(0), 511);
-        AgreedInput y = with("site s;key a s 1;epoch 1;", "a = a + 1;");
+        AgreedInput y = due.with("site s;key a s 1;epoch 1;", "a = a + 1;");
         // nine calls are made
         for (int call = 10; call < 511; call += 3) {
             due.is("odds(10, .), call " + call, y.odds(10, call) >= 0, true);
@@ -168,7 +152,7 @@ public final class EdgesOfPromisesTest {
     }
 
     static void promise02_feedPutsTheHighestByteFirst() {
-        AgreedInput x = with(ONE, "a = 0;", "b = 255;", "c = 128;");
+        AgreedInput x = due.with(ONE, "a = 0;", "b = 255;", "c = 128;");
         x.ticks(1);
         x.feed(0x00000100 | 255, 0x02800000, 0, 0, 0);
         // 0, 0: a is 0; 1, 255; 2, 128
@@ -293,7 +277,7 @@ public final class EdgesOfPromisesTest {
     }
 
     static void promise05_faultIsLeftByWhatIsRefused() {
-        AgreedInput x = with(ONE, "a = 1;");
+        AgreedInput x = due.with(ONE, "a = 1;");
         Due.sentence(x, "reads d");
         int[] sites = {-1, 1, LOW, HIGH};
         for (int s : sites) {
@@ -322,7 +306,7 @@ public final class EdgesOfPromisesTest {
     // ---- 6 to 11
 
     static void promise06_submitAtASiteAlone() {
-        AgreedInput x = with(TWO);
+        AgreedInput x = due.with(TWO);
         due.is("SITE 0", Due.submit(x, 0, "a = 1;"), 0);
         due.is("SITE 1", Due.submit(x, 1, "a = 1;"), 1);
         int[] none = {LOW, -2, -1, 2, 3, HIGH};
@@ -337,7 +321,7 @@ public final class EdgesOfPromisesTest {
     }
 
     static void promise06_submitOf24Trans() {
-        AgreedInput x = with("site s;key a s 1;epoch 20;");
+        AgreedInput x = due.with("site s;key a s 1;epoch 20;");
         for (int n = 0; n < 23; n++) {
             due.is("submit()", Due.submit(x, 0, "a = 1;"), n);
         }
@@ -363,7 +347,7 @@ public final class EdgesOfPromisesTest {
     }
 
     static void promise07_putOfASiteAndATrans() {
-        AgreedInput x = with(TWO, "a = 1;", "b = 1;");
+        AgreedInput x = due.with(TWO, "a = 1;", "b = 1;");
         due.is("put(0, 0)", x.put(0, 0), 0);
         due.is("put(1, 1)", x.put(1, 1), 0);
         due.is("put(1, 3)", x.put(1, 3), 0);
@@ -377,7 +361,7 @@ public final class EdgesOfPromisesTest {
     }
 
     static void promise07_putOf24Trans() {
-        AgreedInput x = with("site s;key a s 1;epoch 20;", "a = 1;");
+        AgreedInput x = due.with("site s;key a s 1;epoch 20;", "a = 1;");
         for (int n = 1; n < 24; n++) {
             due.is("put()", x.put(0, n - 1), 0);
         }
@@ -393,7 +377,7 @@ public final class EdgesOfPromisesTest {
     }
 
     static void promise08_checkIsDoneOrOneIsOn() {
-        AgreedInput x = with("site s;key a s 1;key b s 2;epoch 1;");
+        AgreedInput x = due.with("site s;key a s 1;key b s 2;epoch 1;");
         due.is("check()", x.check(), 0);
         due.is("check()", x.check(), 1);
         x.ticks(1);
@@ -405,7 +389,7 @@ public final class EdgesOfPromisesTest {
     }
 
     static void promise09_crashOfACopyAlone() {
-        AgreedInput x = with(TWO, "a = 1;");
+        AgreedInput x = due.with(TWO, "a = 1;");
         int[] none = {LOW, -2, -1, 2, 3, HIGH};
         for (int c : none) {
             due.is("crash(" + c + ") of none", x.crash(c), NONE);
@@ -419,7 +403,7 @@ public final class EdgesOfPromisesTest {
             due.is("crash(" + c + ")", x.crash(c), NONE);
             leaves("crash(" + c + ")", y -> y.crash(c));
         }
-        AgreedInput three = with("site s;key a s 1;copy m 1 last;copy n 1 last;copy o 1 last;epoch 1;", "a = 2;");
+        AgreedInput three = due.with("site s;key a s 1;copy m 1 last;copy n 1 last;copy o 1 last;epoch 1;", "a = 2;");
         three.ticks(2);
         due.is("crash(2) of three", three.crash(2), 0);
         due.is("value(2, 0)", three.value(2, 0), 1);
@@ -428,7 +412,7 @@ public final class EdgesOfPromisesTest {
     }
 
     static void promise10_ticksTakes1To60() {
-        AgreedInput x = with(ONE);
+        AgreedInput x = due.with(ONE);
         int[] wrong = {LOW, -1, 0, 61, 62, HIGH};
         for (int n : wrong) {
             due.is("ticks(" + n + ")", x.ticks(n), NONE);
@@ -445,20 +429,20 @@ public final class EdgesOfPromisesTest {
         int[] ahead = {939, 940, 941, 999, 1000};
         int[] went = {60, 60, 59, 1, 0};
         for (int i = 0; i < ahead.length; i++) {
-            AgreedInput x = with(ONE);
-            ticksTo(x, ahead[i]);
+            AgreedInput x = due.with(ONE);
+            due.ticksTo(x, ahead[i]);
             due.is("ticks(60) from " + ahead[i], x.ticks(60), went[i]);
             due.is("now(0)", x.now(0), ahead[i] + went[i]);
         }
-        AgreedInput y = with(ONE);
-        ticksTo(y, 1000);
+        AgreedInput y = due.with(ONE);
+        due.ticksTo(y, 1000);
         due.is("not as told, at the end", y.ticks(61), NONE);
         due.is("not as told, at the end", y.ticks(0), NONE);
     }
 
     static void promise11_undoOf8AtMost() {
         for (int acts = 0; acts <= 18; acts++) {
-            AgreedInput x = with(ONE);
+            AgreedInput x = due.with(ONE);
             for (int i = 0; i < acts; i++) {
                 x.ticks(1);
             }
@@ -473,7 +457,7 @@ public final class EdgesOfPromisesTest {
     }
 
     static void promise11_undoAndActsBetween() {
-        AgreedInput x = with(ONE);
+        AgreedInput x = due.with(ONE);
         for (int i = 0; i < 10; i++) {
             x.ticks(1);
         }
@@ -501,7 +485,7 @@ public final class EdgesOfPromisesTest {
         undoes("drawn()", x -> x.drawn(1, 5));
         undoes("a BOOK", x -> Due.book(x, 1, "tick 1;"));
         undoes("a BOOK of which one LINE was lived", x -> Due.book(x, 1, "tick 1;put s 23;"));
-        AgreedInput x = with(ONE);
+        AgreedInput x = due.with(ONE);
         due.is("check()", x.check(), 0);
         due.is("undo()", x.undo(), 0);
         due.is("now(4)", x.now(4), 0);
@@ -527,7 +511,7 @@ public final class EdgesOfPromisesTest {
     }
 
     static void promise11_undoOfNoneThatWasRefused() {
-        AgreedInput x = with(ONE, "a = 1;");
+        AgreedInput x = due.with(ONE, "a = 1;");
         due.is("undo()", x.undo(), 0);
         Due.submit(x, 0, "d = 1;");
         Due.submit(x, 1, "a = 1;");
@@ -553,7 +537,7 @@ public final class EdgesOfPromisesTest {
         x.check();
         x.check();
         due.is("undo() of the first alone", x.undo(), 0);
-        ticksTo(x, 1000);
+        due.ticksTo(x, 1000);
         x.ticks(1);
         x.drawn(1, 1);
         Due.book(x, 1, "tick 1;");
@@ -561,7 +545,7 @@ public final class EdgesOfPromisesTest {
     }
 
     static void promise11_undoLeavesWhatIsNotAnAct() {
-        AgreedInput x = with(ONE, "a = 9;");
+        AgreedInput x = due.with(ONE, "a = 9;");
         x.ticks(2);
         Due.sentence(x, "done");
         Due.so(x, 0, 1);
@@ -601,9 +585,9 @@ public final class EdgesOfPromisesTest {
     }
 
     static void promise12_nowAtTheBoundsOfTicksAndTrans() {
-        AgreedInput x = with(ONE);
+        AgreedInput x = due.with(ONE);
         due.is("TICK 0", x.now(0), 0);
-        ticksTo(x, 1000);
+        due.ticksTo(x, 1000);
         due.is("TICK 1000", x.now(0), 1000);
         for (int n = 0; n < 24; n++) {
             Due.submit(x, 0, "a = 1;");
@@ -613,7 +597,7 @@ public final class EdgesOfPromisesTest {
     }
 
     static void promise13_valueOfACopyAndAKey() {
-        AgreedInput x = with(TWO);
+        AgreedInput x = due.with(TWO);
         for (int c = 0; c < 2; c++) {
             int copy = c;
             throwsBeyond("value(" + c + ", .)", 2, k -> x.value(copy, k));
@@ -624,7 +608,7 @@ public final class EdgesOfPromisesTest {
         }
         due.is("value(1, 2)", x.value(1, 2), 4);
         leaves("value() that throws", y -> due.throwsNoSuch("value(2, 3)", () -> y.value(2, 3)));
-        AgreedInput without = with("site s;");
+        AgreedInput without = due.with("site s;");
         throwsBeyond("value() without KEYS", NONE, k -> without.value(0, k));
     }
 
@@ -647,7 +631,7 @@ public final class EdgesOfPromisesTest {
     }
 
     static void promise14_keyHasATwinOrNone() {
-        AgreedInput x = with(ONE, "b = 8;");
+        AgreedInput x = due.with(ONE, "b = 8;");
         due.throwsNoSuch("without a CHECK", () -> x.key(1, 3));
         x.check();
         due.throwsNoSuch("nothing is written", () -> x.key(1, 3));
@@ -678,7 +662,7 @@ public final class EdgesOfPromisesTest {
         for (int what : none) {
             due.is("trans(0, " + what + ")", x.trans(0, what), NONE);
         }
-        AgreedInput y = with("site s;key a s 1;epoch 20;");
+        AgreedInput y = due.with("site s;key a s 1;epoch 20;");
         bounds("trans() without any", NONE, n -> y.trans(n, 1));
         for (int n = 0; n < 24; n++) {
             Due.submit(y, 0, "a = 1;".repeat(n % 6 + 1));
@@ -688,7 +672,7 @@ public final class EdgesOfPromisesTest {
     }
 
     static void promise15_transPlaceOfTheLastOneInTheOrder() {
-        AgreedInput x = with("site s;key i s 1;key j s 2;key k s 3;epoch 1;", "i = 2;", "at i = 9;");
+        AgreedInput x = due.with("site s;key i s 1;key j s 2;key k s 3;epoch 1;", "i = 2;", "at i = 9;");
         due.is("not in the ORDER", x.trans(1, 3), NONE);
         x.ticks(1);
         due.is("one ENTRY", x.trans(1, 2), 1);
@@ -701,7 +685,7 @@ public final class EdgesOfPromisesTest {
 
     static void promise15_transPlaceWhileTheLastOneHasOnlyArrived() {
         // the last one in the ORDER: one that has arrived anew has no place, the one ahead of it keeps its own
-        AgreedInput x = with("site s;key i s 1;key j s 2;key k s 3;epoch 3;", "i = 2;", "at i = 9;");
+        AgreedInput x = due.with("site s;key i s 1;key j s 2;key k s 3;epoch 3;", "i = 2;", "at i = 9;");
         x.ticks(2);
         due.is("it has only arrived", x.trans(1, 3), NONE);
         x.ticks(3);
@@ -715,7 +699,7 @@ public final class EdgesOfPromisesTest {
     }
 
     static void promise16_arrivedAtASite() {
-        AgreedInput x = with("site s;site t;site u;key a s 1;epoch 2;");
+        AgreedInput x = due.with("site s;site t;site u;key a s 1;epoch 2;");
         Due.submit(x, 1, "a = 1;");
         Due.submit(x, 1, "a = 2;");
         Due.submit(x, 2, "a = 3;");
@@ -742,7 +726,7 @@ public final class EdgesOfPromisesTest {
         row("entry(0, .)", what -> x.entry(0, what), 0, 0, 6, 1, 1, 0);
         row("entry(1, .)", what -> x.entry(1, what), 1, 0, 0, 2, 0, 1);
         due.is("none of the one that arrived", x.entry(2, 0), NONE);
-        AgreedInput y = with(ONE, "a = 1;");
+        AgreedInput y = due.with(ONE, "a = 1;");
         bounds("entry() of an empty ORDER", NONE, i -> y.entry(i, 0));
     }
 
@@ -752,12 +736,12 @@ public final class EdgesOfPromisesTest {
         bounds("how(1, .)", 1, i -> x.how(1, i));
         bounds("how(., 0)", 1, c -> x.how(c, 0));
         bounds("how(., 1)", 1, c -> x.how(c, 1));
-        AgreedInput y = with(ONE, "a = 1;");
+        AgreedInput y = due.with(ONE, "a = 1;");
         bounds("how() of an empty ORDER", NONE, i -> y.how(0, i));
     }
 
     static void promise18_howIs0To4() {
-        AgreedInput x = with("site s;site t;key i s 1;key j s 2;key k t 3;copy m 4 first;epoch 1;link 5;", "i = 2;", "j = k;",
+        AgreedInput x = due.with("site s;site t;key i s 1;key j s 2;key k t 3;copy m 4 first;epoch 1;link 5;", "i = 2;", "j = k;",
             "at i = 9;", "need i = 1;", "j = 3;");
         x.ticks(3);
         row("how(0, .)", i -> x.how(0, i), 2, 1, 0, 4, 0);
@@ -768,7 +752,7 @@ public final class EdgesOfPromisesTest {
     }
 
     static void promise19_foreseenOfAnEntryAndAnAt() {
-        AgreedInput x = with(TWO, "a = 1;", "at a = 1;", "at a = at b + at c - at a;");
+        AgreedInput x = due.with(TWO, "a = 1;", "at a = 1;", "at a = at b + at c - at a;");
         bounds("nothing is in the ORDER", NONE, i -> x.foreseen(i, 0));
         x.ticks(2);
         bounds("foreseen(0, .) without an 'at'", NONE, j -> x.foreseen(0, j));
@@ -782,7 +766,7 @@ public final class EdgesOfPromisesTest {
     }
 
     static void promise20_asksOfACopyAndAKey() {
-        AgreedInput x = with(TWO, "need a = 1;", "a = 2;", "b = 3;");
+        AgreedInput x = due.with(TWO, "need a = 1;", "a = 2;", "b = 3;");
         bounds("nobody asks", NONE, i -> x.asks(0, 0, i));
         x.ticks(2);
         bounds("asks(0, 0, .)", 1, i -> x.asks(0, 0, i));
@@ -797,7 +781,7 @@ public final class EdgesOfPromisesTest {
     }
 
     static void promise20_asksAtPlace39() {
-        AgreedInput x = with("site s;key i s 0;key j s 0;copy m 4 first;epoch 20;link 0;", "i = 1;", "need at i = 0;", "need j = 0;");
+        AgreedInput x = due.with("site s;key i s 0;key j s 0;copy m 4 first;epoch 20;link 0;", "i = 1;", "need at i = 0;", "need j = 0;");
         for (int n = 3; n < 24; n++) {
             x.put(0, n < 18 ? 1 : 2);
         }
@@ -814,7 +798,7 @@ public final class EdgesOfPromisesTest {
     }
 
     static void promise21_readyOfACopy() {
-        AgreedInput x = with(TWO, "need a = 1;", "a = 2;", "b = 3;");
+        AgreedInput x = due.with(TWO, "need a = 1;", "a = 2;", "b = 3;");
         bounds("nothing is in the ORDER", NONE, i -> x.ready(0, i));
         x.ticks(2);
         bounds("ready(0, .)", 1, i -> x.ready(0, i));
@@ -829,7 +813,7 @@ public final class EdgesOfPromisesTest {
     }
 
     static void promise21_whoIsGoingIsNotReady() {
-        AgreedInput x = with(TWO, "a = c;");
+        AgreedInput x = due.with(TWO, "a = c;");
         x.ticks(2);
         due.is("ready(0, 0)", x.ready(0, 0), 0);
         x.ticks(1);
@@ -838,7 +822,7 @@ public final class EdgesOfPromisesTest {
     }
 
     static void promise22_waitsOfACopyAndAnEntry() {
-        AgreedInput x = with(TWO, "a = c;", "need b = 2;", "a = 2; b = 3;", "need a = 2;");
+        AgreedInput x = due.with(TWO, "a = c;", "need b = 2;", "a = 2; b = 3;", "need a = 2;");
         x.ticks(2);
         bounds("waits(0, .)", 3, i -> x.waits(0, i));
         bounds("waits(1, .)", 3, i -> x.waits(1, i));
@@ -852,25 +836,25 @@ public final class EdgesOfPromisesTest {
         due.is("how(1, 2)", x.how(1, 2), 1);
         x.ticks(1);
         row("all are EXECUTED", i -> x.waits(1, i), 0, 0, 0, 0);
-        AgreedInput y = with(ONE, "a = 1;");
+        AgreedInput y = due.with(ONE, "a = 1;");
         bounds("waits() of an empty ORDER", NONE, i -> y.waits(0, i));
     }
 
     // ---- 23 to 30
 
     static void promise23_serialOfAKey() {
-        AgreedInput x = with(TWO, "c = 7;");
+        AgreedInput x = due.with(TWO, "c = 7;");
         throwsBeyond("serial", 2, x::serial);
         x.ticks(2);
         row("serial", x::serial, 1, 2, 7);
         leaves("serial() that throws", y -> due.throwsNoSuch("serial(3)", () -> y.serial(3)));
-        throwsBeyond("serial() without KEYS", NONE, with("site s;")::serial);
+        throwsBeyond("serial() without KEYS", NONE, due.with("site s;")::serial);
     }
 
     static void promise24_sameIs1Or0() {
         AgreedInput x = new AgreedInput();
         due.is("a new object", x.same(), 1);
-        AgreedInput y = with(TWO, "a = 2;", "b = 3;");
+        AgreedInput y = due.with(TWO, "a = 2;", "b = 3;");
         due.is("nothing in the ORDER", y.same(), 1);
         y.ticks(2);
         due.is("none EXECUTED", y.same(), 0);
@@ -885,7 +869,7 @@ public final class EdgesOfPromisesTest {
     static void promise25_chainOfNoneAndOne() {
         AgreedInput x = new AgreedInput();
         due.is("a new object", x.chain(), 0);
-        AgreedInput y = with(ONE, "a = 1;");
+        AgreedInput y = due.with(ONE, "a = 1;");
         due.is("arrived", y.chain(), 0);
         y.ticks(1);
         due.is("one", y.chain(), 1);
@@ -900,7 +884,7 @@ public final class EdgesOfPromisesTest {
     static void promise26_leastOfNoneAndOne() {
         AgreedInput x = new AgreedInput();
         due.is("a new object", x.least(), 0);
-        AgreedInput y = with(TWO, "a = 1;", "a = b;", "need c = 1;");
+        AgreedInput y = due.with(TWO, "a = 1;", "a = b;", "need c = 1;");
         due.is("arrived", y.least(), 0);
         y.ticks(2);
         due.is("least()", y.least(), 3);
@@ -911,7 +895,7 @@ public final class EdgesOfPromisesTest {
 
     /** 8 TRANS of which one goes and the others are asked anew, all sent over, and 4 more: 406 TICKS. */
     static void promise27_overIsNoneBehind400() {
-        AgreedInput x = with("site s;site t;key i s 0;key j t 0;key k s 0;copy m 1 first;epoch 18;link 9;",
+        AgreedInput x = due.with("site s;site t;key i s 0;key j t 0;key k s 0;copy m 1 first;epoch 18;link 9;",
             "at k = 5; k = 1 - k; j = j;", "i = j;");
         for (int n = 1; n < 8; n++) {
             x.put(0, 0);
@@ -937,7 +921,7 @@ public final class EdgesOfPromisesTest {
     }
 
     static void promise27_overIs0Now() {
-        AgreedInput x = with(ONE);
+        AgreedInput x = due.with(ONE);
         due.is("nothing is to be done", x.over(), 0);
         Due.submit(x, 0, "a = 1;");
         due.is("one", x.over(), 2);
@@ -951,7 +935,7 @@ public final class EdgesOfPromisesTest {
     }
 
     static void promise28_soEmptiesTheTapeAndTellsHowMany() {
-        AgreedInput x = with(ONE, "a = 9;");
+        AgreedInput x = due.with(ONE, "a = 9;");
         x.ticks(1);
         due.is("so()", Due.so(x, 0, 9), 1);
         due.is("the tape", x.count(5), 0);
@@ -963,12 +947,12 @@ public final class EdgesOfPromisesTest {
         due.is("14 bytes", Due.so(x, 0, 9, 0, 9, 0, 9, 0, 9, 0, 9, 0, 9, 0, 9), NONE);
         due.is("12 bytes", Due.so(x, 0, 9, 0, 9, 0, 9, 0, 9, 0, 9, 0, 9), 1);
         due.is("11 bytes", Due.so(x, 0, 9, 0, 9, 0, 9, 0, 9, 0, 9, 0), NONE);
-        due.is("without KEYS", Due.so(with("site s;"), 0, 0), NONE);
+        due.is("without KEYS", Due.so(due.with("site s;"), 0, 0), NONE);
         due.is("fault() has nothing of it", x.fault(), 0);
     }
 
     static void promise29_soAtOfTheLatestThatWasNotNone() {
-        AgreedInput x = with(ONE, "b = 9;", "a = 5;");
+        AgreedInput x = due.with(ONE, "b = 9;", "a = 5;");
         bounds("ahead of any", NONE, x::soAt);
         due.is("not as told", Due.so(x, 7, 7), NONE);
         bounds("ahead of any but one of NONE", NONE, x::soAt);
@@ -988,7 +972,7 @@ public final class EdgesOfPromisesTest {
     }
 
     static void promise29_soAtOf41Numbers() {
-        AgreedInput x = with("site s;key i s 0;key j s 0;key k s 7;copy m 4 first;epoch 1;link 0;", "i = 1 - i; at i = at i;");
+        AgreedInput x = due.with("site s;key i s 0;key j s 0;key k s 7;copy m 4 first;epoch 1;link 0;", "i = 1 - i; at i = at i;");
         for (int n = 1; n < 24; n++) {
             x.put(0, 0);
         }
@@ -1003,7 +987,7 @@ public final class EdgesOfPromisesTest {
     }
 
     static void promise30_askOfTheLatestAbove0() {
-        AgreedInput x = with(ONE, "b = 9;", "c = 9;");
+        AgreedInput x = due.with(ONE, "b = 9;", "c = 9;");
         due.is("ahead of any", x.ask(), NONE);
         Due.so(x, 9, 9);
         due.is("behind NONE", x.ask(), NONE);
@@ -1030,7 +1014,7 @@ public final class EdgesOfPromisesTest {
     // ---- 31 to 34
 
     static void promise31_drawnTakes1To60() {
-        AgreedInput x = with(ONE, "a = a + 1;");
+        AgreedInput x = due.with(ONE, "a = a + 1;");
         int[] wrong = {LOW, -1, 0, 61, 62, HIGH};
         for (int n : wrong) {
             due.is("drawn(" + n + ", 1)", x.drawn(n, 1), NONE);
@@ -1046,13 +1030,13 @@ public final class EdgesOfPromisesTest {
         int[] ahead = {940, 941, 999, 1000};
         int[] went = {60, 59, 1, 0};
         for (int i = 0; i < ahead.length; i++) {
-            AgreedInput x = with(ONE, "a = a + 1;");
-            ticksTo(x, ahead[i]);
+            AgreedInput x = due.with(ONE, "a = a + 1;");
+            due.ticksTo(x, ahead[i]);
             due.is("drawn(60, 5) from " + ahead[i], x.drawn(60, 5), went[i]);
             due.is("now(0)", x.now(0), ahead[i] + went[i]);
         }
-        AgreedInput y = with(ONE, "a = a + 1;");
-        ticksTo(y, 1000);
+        AgreedInput y = due.with(ONE, "a = a + 1;");
+        due.ticksTo(y, 1000);
         y.check();
         String look = Look.of(y);
         for (int seed = 0; seed < 20; seed++) {
@@ -1074,7 +1058,7 @@ public final class EdgesOfPromisesTest {
     }
 
     static void promise32_oddsTakes1To10() {
-        AgreedInput x = with(TWO, "a = a + 1;");
+        AgreedInput x = due.with(TWO, "a = a + 1;");
         int[] wrong = {LOW, -1, 0, 11, 12, HIGH};
         for (int n : wrong) {
             due.is("odds(" + n + ", 1)", x.odds(n, 1), NONE);
@@ -1095,14 +1079,14 @@ public final class EdgesOfPromisesTest {
 
     static void promise32_oddsAre30TicksFromNowOn() {
         for (int seed = 1; seed < 30; seed++) {
-            AgreedInput x = with(TWO, "a = a + 1;", "b = a;");
+            AgreedInput x = due.with(TWO, "a = a + 1;", "b = a;");
             int odds = x.odds(1, seed);
             x.drawn(30, seed);
             due.is("odds(1, " + seed + ")", odds, x.same());
         }
         // one TICK is left
-        AgreedInput y = with(ONE);
-        ticksTo(y, 998);
+        AgreedInput y = due.with(ONE);
+        due.ticksTo(y, 998);
         Due.submit(y, 0, "a = 5;");
         y.ticks(1);
         int sum = 0;
@@ -1115,8 +1099,8 @@ public final class EdgesOfPromisesTest {
         due.is("odds(10, 0)", y.odds(10, 0), sum);
         y.ticks(1);
         due.is("none is left, all are as now", y.odds(10, 0), 10);
-        AgreedInput z = with(ONE);
-        ticksTo(z, 999);
+        AgreedInput z = due.with(ONE);
+        due.ticksTo(z, 999);
         Due.submit(z, 0, "a = 5;");
         z.ticks(1);
         due.is("none is left, all are as now", z.odds(10, 0), 0);
@@ -1127,7 +1111,7 @@ public final class EdgesOfPromisesTest {
         for (int lives : others) {
             leaves("book(" + lives + ")", y -> due.is("book(" + lives + ")", y.book(lives), -1000));
         }
-        AgreedInput x = with(ONE);
+        AgreedInput x = due.with(ONE);
         Due.tape(x, "tick 3;");
         due.is("book(2)", x.book(2), -1000);
         due.is("the tape stays", x.count(5), 7);
@@ -1139,7 +1123,7 @@ public final class EdgesOfPromisesTest {
     }
 
     static void promise33_bookAnswersTheLineThatIsWrong() {
-        AgreedInput x = with(ONE, "a = 5;");
+        AgreedInput x = due.with(ONE, "a = 5;");
         due.is("the first", Due.book(x, 1, "put s 1;tick 1;"), 0);
         due.is("nothing is lived", x.now(0), 0);
         due.is("nothing can be undone of it", x.undo(), 0);
@@ -1173,7 +1157,7 @@ public final class EdgesOfPromisesTest {
     }
 
     static void promise34_toldOf0To3() {
-        AgreedInput x = with(ONE);
+        AgreedInput x = due.with(ONE);
         bounds("ahead of any", NONE, x::told);
         Due.book(x, 0, "tick");
         bounds("behind one with a FAULT", NONE, x::told);
@@ -1199,7 +1183,7 @@ public final class EdgesOfPromisesTest {
     }
 
     static void promise34_toldWhyPuttingWasWrong() {
-        AgreedInput x = with("site s;key a s 1;epoch 1;", "a = 2;");
+        AgreedInput x = due.with("site s;key a s 1;epoch 1;", "a = 2;");
         tells(x, "put s 0;", 0, 1, 0, 0);
         tells(x, "put s 1;", 9, 0, 0, 0);
         tells(x, "put s 0;put s 1;put s 2;", 0, 3, 0, 0);
@@ -1215,7 +1199,7 @@ public final class EdgesOfPromisesTest {
     }
 
     static void promise34_toldWhyCheckingAndCrashingWereWrong() {
-        AgreedInput x = with("site s;key a s 1;key b s 2;epoch 3;", "a = 2;");
+        AgreedInput x = due.with("site s;key a s 1;key b s 2;epoch 3;", "a = 2;");
         tells(x, "check;", 0, 1, 0, 0);
         tells(x, "check;check;", 11, 1, 0, 0);
         tells(x, "check;tick 1;check;", 11, 2, 1, 0);
@@ -1225,12 +1209,12 @@ public final class EdgesOfPromisesTest {
         tells(x, "crash m;", 21, 0, 0, 0);
         tells(x, "tick 2;crash m;", 21, 1, 2, 0);
         tells(x, "tick 3;crash m;", 0, 2, 3, 1);
-        AgreedInput without = with("copy m 1 first;");
+        AgreedInput without = due.with("copy m 1 first;");
         tells(without, "check;check;tick 1;check;", 0, 4, 1, 0);
     }
 
     static void promise34_toldThatFewerTicksAreLeft() {
-        AgreedInput x = with(ONE, "a = 2;");
+        AgreedInput x = due.with(ONE, "a = 2;");
         String to960 = "tick 60;".repeat(16);
         tells(x, to960 + "tick 40;", 0, 17, 1000, 1);
         tells(x, to960 + "tick 41;", 31, 16, 960, 1);
@@ -1265,14 +1249,14 @@ public final class EdgesOfPromisesTest {
             AgreedInput x = busy();
             due.is("sentence() of " + text, Due.sentence(x, text) < 0, true);
             due.is("it stays behind " + text, Look.through(x), Look.through(busy()));
-            AgreedInput y = with(TWO);
+            AgreedInput y = due.with(TWO);
             Due.sentence(y, text);
             due.is("there is none still", y.said(NONE), NONE);
         }
     }
 
     static void promise36_saidOfNoneAndTheKth() {
-        AgreedInput x = with(ONE, "a = 1;", "b = 2;", "need a = 9;");
+        AgreedInput x = due.with(ONE, "a = 1;", "b = 2;", "need a = 9;");
         int[] all = {LOW, -2, -1, 0, 1, HIGH};
         for (int k : all) {
             due.is("said(" + k + ") without a SENTENCE", x.said(k), NONE);
@@ -1295,90 +1279,83 @@ public final class EdgesOfPromisesTest {
         row("of all", x::said, 0, 1, 2, NONE);
     }
 
-    private static void says(AgreedInput x, String sentence, int... places) {
-        due.is("sentence() of " + sentence, Due.sentence(x, sentence) > 0, true);
-        due.is("said(NONE) of " + sentence, x.said(NONE), places.length);
-        row("said() of " + sentence, x::said, places);
-        due.is("said() behind them of " + sentence, x.said(places.length), NONE);
-    }
-
     static void promise36_saidOfNumbersOnBothSides() {
-        AgreedInput x = with("site s;site t;key i s 1;key j s 2;key k s 3;copy m 1 first;epoch 4;", "i = 2;", "j = 0;", "k = 0;");
+        AgreedInput x = due.with("site s;site t;key i s 1;key j s 2;key k s 3;copy m 1 first;epoch 4;", "i = 2;", "j = 0;", "k = 0;");
         Due.submit(x, 1, "at i = 7;");
         x.ticks(4);
-        says(x, "place < 1", 0);
-        says(x, "place < 0");
-        says(x, "place = 0", 0);
-        says(x, "place > 0", 1, 2, 3);
-        says(x, "place = 3", 3);
-        says(x, "place > 3");
-        says(x, "place < 999", 0, 1, 2, 3);
-        says(x, "trans < 1", 0);
-        says(x, "trans > 2", 3);
-        says(x, "trans = 3", 3);
-        says(x, "trans = 4");
-        says(x, "tries = 1", 0, 1, 2, 3);
-        says(x, "tries > 1");
+        due.says(x, "place < 1", 0);
+        due.says(x, "place < 0");
+        due.says(x, "place = 0", 0);
+        due.says(x, "place > 0", 1, 2, 3);
+        due.says(x, "place = 3", 3);
+        due.says(x, "place > 3");
+        due.says(x, "place < 999", 0, 1, 2, 3);
+        due.says(x, "trans < 1", 0);
+        due.says(x, "trans > 2", 3);
+        due.says(x, "trans = 3", 3);
+        due.says(x, "trans = 4");
+        due.says(x, "tries = 1", 0, 1, 2, 3);
+        due.says(x, "tries > 1");
         x.ticks(4);
         // the ENTRY that arrived anew counts, and came into the ORDER in that TICK
-        says(x, "tries > 1", 3, 4);
-        says(x, "tries = 2 and retried", 3);
-        says(x, "trans = 3", 3, 4);
-        says(x, "from t", 3, 4);
-        says(x, "from s", 0, 1, 2);
+        due.says(x, "tries > 1", 3, 4);
+        due.says(x, "tries = 2 and retried", 3);
+        due.says(x, "trans = 3", 3, 4);
+        due.says(x, "from t", 3, 4);
+        due.says(x, "from s", 0, 1, 2);
     }
 
     static void promise36_saidOfAllAndOr() {
-        AgreedInput x = with(ONE, "a = 1;", "b = a;", "c = 1;", "need c = 1;");
+        AgreedInput x = due.with(ONE, "a = 1;", "b = a;", "c = 1;", "need c = 1;");
         x.ticks(1);
         // READY: 0 and 2
-        says(x, "ready", 0, 2);
-        says(x, "reads a", 1);
-        says(x, "writes c", 2);
-        says(x, "reads c", 3);
-        says(x, "ready and writes c or reads a", 1, 2);
-        says(x, "reads a or ready and writes c", 1, 2);
-        says(x, "(reads a or ready) and writes c", 2);
-        says(x, "not ready and reads a", 1);
-        says(x, "not (ready and reads a)", 0, 1, 2, 3);
-        says(x, "not not ready", 0, 2);
-        says(x, "not ready or writes a and ready", 0, 1, 3);
+        due.says(x, "ready", 0, 2);
+        due.says(x, "reads a", 1);
+        due.says(x, "writes c", 2);
+        due.says(x, "reads c", 3);
+        due.says(x, "ready and writes c or reads a", 1, 2);
+        due.says(x, "reads a or ready and writes c", 1, 2);
+        due.says(x, "(reads a or ready) and writes c", 2);
+        due.says(x, "not ready and reads a", 1);
+        due.says(x, "not (ready and reads a)", 0, 1, 2, 3);
+        due.says(x, "not not ready", 0, 2);
+        due.says(x, "not ready or writes a and ready", 0, 1, 3);
         x.ticks(1);
-        says(x, "ready", 1, 2);
-        says(x, "done", 0);
+        due.says(x, "ready", 1, 2);
+        due.says(x, "done", 0);
     }
 
     static void promise36_saidOfWhatIsWithinOneAnother() {
         // of 1 alone: reads a; of 2: writes c; of 3: reads c; of 0 and 2: ready
-        AgreedInput x = with(ONE, "a = 1;", "b = a;", "c = 1;", "need c = 1;");
+        AgreedInput x = due.with(ONE, "a = 1;", "b = a;", "c = 1;", "need c = 1;");
         x.ticks(1);
-        says(x, "reads a or (writes c or (ready and going))", 1, 2);
-        says(x, "reads a or (going or (ready and writes c))", 1, 2);
-        says(x, "reads a or (writes c or (going and ready))", 1, 2);
-        says(x, "ready or (reads a or (reads c or (going and done)))", 0, 1, 2, 3);
-        says(x, "reads a or (going and (going or going and waiting))", 1);
-        says(x, "waiting and (ready or (reads a and (going or going)))", 0, 2);
-        says(x, "waiting and (waiting and (waiting and (waiting or going) or going) and reads c)", 3);
-        says(x, "not (waiting and (ready or (reads a and (going or not done))))", 3);
-        says(x, "not (going or (going or not (waiting and writes c)))", 2);
-        says(x, "((reads a)) or (not ((ready or reads a) or going))", 1, 3);
+        due.says(x, "reads a or (writes c or (ready and going))", 1, 2);
+        due.says(x, "reads a or (going or (ready and writes c))", 1, 2);
+        due.says(x, "reads a or (writes c or (going and ready))", 1, 2);
+        due.says(x, "ready or (reads a or (reads c or (going and done)))", 0, 1, 2, 3);
+        due.says(x, "reads a or (going and (going or going and waiting))", 1);
+        due.says(x, "waiting and (ready or (reads a and (going or going)))", 0, 2);
+        due.says(x, "waiting and (waiting and (waiting and (waiting or going) or going) and reads c)", 3);
+        due.says(x, "not (waiting and (ready or (reads a and (going or not done))))", 3);
+        due.says(x, "not (going or (going or not (waiting and writes c)))", 2);
+        due.says(x, "((reads a)) or (not ((ready or reads a) or going))", 1, 3);
     }
 
     static void promise36_saidOfCopy0Alone() {
-        AgreedInput x = with(ONE + "copy n 4 first;", "a = 1;", "b = 1;", "need c = 9;");
+        AgreedInput x = due.with(ONE + "copy n 4 first;", "a = 1;", "b = 1;", "need c = 9;");
         x.ticks(2);
-        says(x, "done", 0);
-        says(x, "stopped");
-        says(x, "ready", 1, 2);
-        says(x, "waiting", 1, 2);
+        due.says(x, "done", 0);
+        due.says(x, "stopped");
+        due.says(x, "ready", 1, 2);
+        due.says(x, "waiting", 1, 2);
         x.crash(0);
-        says(x, "done");
+        due.says(x, "done");
         x.ticks(3);
-        says(x, "stopped", 2);
+        due.says(x, "stopped", 2);
     }
 
     static void promise37_imageOf0And1() {
-        AgreedInput x = with(ONE);
+        AgreedInput x = due.with(ONE);
         int[] none = {LOW, -2, -1, 2, 3, HIGH};
         for (int k : none) {
             due.is("image(" + k + ")", x.image(k), false);
@@ -1416,7 +1393,7 @@ public final class EdgesOfPromisesTest {
     }
 
     static void promise37_imageWithoutASentence() {
-        AgreedInput x = with(ONE, "a = 1;");
+        AgreedInput x = due.with(ONE, "a = 1;");
         x.ticks(1);
         x.image(0);
         Due.sentence(x, "waiting");
@@ -1429,7 +1406,7 @@ public final class EdgesOfPromisesTest {
     }
 
     static void promise38_restoreOf0And1() {
-        AgreedInput x = with(ONE, "a = 9;");
+        AgreedInput x = due.with(ONE, "a = 9;");
         int[] none = {LOW, -2, -1, 0, 1, 2, HIGH};
         for (int k : none) {
             due.is("restore(" + k + ")", x.restore(k), false);
@@ -1442,7 +1419,7 @@ public final class EdgesOfPromisesTest {
     }
 
     static void promise38_restoreLeavesTheTapeAndWhatWasTold() {
-        AgreedInput x = with(ONE, "a = 9;");
+        AgreedInput x = due.with(ONE, "a = 9;");
         x.image(0);
         x.ticks(1);
         Due.so(x, 0, 1);

@@ -19,19 +19,9 @@ public final class EdgesOfTermsTest {
         return Due.book(x, 1, text);
     }
 
-    private static String times(int n, String part) {
-        return part.repeat(n);
-    }
-
-    private static AgreedInput with(String world) {
-        AgreedInput x = new AgreedInput();
-        due.is("world() of " + world, Due.world(x, world) >= 0, true);
-        return x;
-    }
-
     /** An object of which much is so, was told, and can be undone. */
     private static AgreedInput busy() {
-        AgreedInput x = with(WORLD);
+        AgreedInput x = due.with(WORLD);
         Due.submit(x, 0, "a = b;");
         Due.submit(x, 1, "need b = 2; b = 3;");
         x.image(0);
@@ -205,15 +195,15 @@ public final class EdgesOfTermsTest {
     // ---- a WORLD
 
     static void terms_worldHas900BytesAtMost() {
-        String full = WORLD + times(900 - WORLD.length(), " ");
+        String full = WORLD + Due.times(900 - WORLD.length(), " ");
         worldIs(full, 8);
         worldFails(full + " ", 1, 900);
         worldFails(full + "site u;", 1, 900);
-        worldIs(times(900 - WORLD.length(), "\n") + WORLD, 8);
-        worldFails(times(901 - WORLD.length(), "\n") + WORLD, 1, 900);
-        worldIs(times(900, " "), 0);
-        worldFails(times(901, " "), 1, 900);
-        worldFails(times(940, " "), 1, 900);
+        worldIs(Due.times(900 - WORLD.length(), "\n") + WORLD, 8);
+        worldFails(Due.times(901 - WORLD.length(), "\n") + WORLD, 1, 900);
+        worldIs(Due.times(900, " "), 0);
+        worldFails(Due.times(901, " "), 1, 900);
+        worldFails(Due.times(940, " "), 1, 900);
     }
 
     static void terms_worldMayBeEmpty() {
@@ -243,7 +233,7 @@ public final class EdgesOfTermsTest {
 
     static void terms_worldHas3SitesAtMost() {
         worldIs("site p;site q;site r;", 3);
-        AgreedInput x = with("site p;site q;site r;key a r 1;");
+        AgreedInput x = due.with("site p;site q;site r;key a r 1;");
         due.is("count(0)", x.count(0), 3);
         due.is("SITE 2", Due.submit(x, 2, "a = 1;"), 0);
         due.is("SITE 3", Due.submit(x, 3, "a = 1;"), -1000);
@@ -262,7 +252,7 @@ public final class EdgesOfTermsTest {
     static void terms_worldHas10KeysAtMost() {
         worldIs(keys(9), 10);
         worldIs(keys(10), 11);
-        AgreedInput x = with(keys(10));
+        AgreedInput x = due.with(keys(10));
         due.is("count(1)", x.count(1), 10);
         due.is("value(0, 9)", x.value(0, 9), 9);
         due.throwsNoSuch("value(0, 10)", () -> x.value(0, 10));
@@ -273,7 +263,7 @@ public final class EdgesOfTermsTest {
     static void terms_worldHas3CopiesAtMost() {
         String three = "copy k 1 first;copy l 2 last;copy m 3 first;";
         worldIs(three, 3);
-        AgreedInput x = with("site s;key a s 7;" + three);
+        AgreedInput x = due.with("site s;key a s 7;" + three);
         due.is("count(2)", x.count(2), 3);
         due.is("value(2, 0)", x.value(2, 0), 7);
         due.throwsNoSuch("value(3, 0)", () -> x.value(3, 0));
@@ -281,7 +271,7 @@ public final class EdgesOfTermsTest {
     }
 
     static void terms_worldNumbersEachSortFrom0() {
-        AgreedInput x = with("site p;copy k 1 first;site q;key a q 4;copy l 4 last;site r;key b r 5;key c p 6;");
+        AgreedInput x = due.with("site p;copy k 1 first;site q;key a q 4;copy l 4 last;site r;key b r 5;key c p 6;");
         int[] sites = {1, 2, 0};
         for (int k = 0; k < 3; k++) {
             due.is("key(" + k + ", 0)", x.key(k, 0), sites[k]);
@@ -294,7 +284,7 @@ public final class EdgesOfTermsTest {
     static void terms_worldKeyBeginsWith0To999() {
         worldIs("site s;key a s 0;", 2);
         worldIs("site s;key a s 999;", 2);
-        AgreedInput x = with("site s;key a s 0;key b s 999;");
+        AgreedInput x = due.with("site s;key a s 0;key b s 999;");
         due.is("value(0, 0)", x.value(0, 0), 0);
         due.is("value(0, 1)", x.value(0, 1), 999);
         worldFails("site s;key a s 1000;", 1, 15);
@@ -320,12 +310,12 @@ public final class EdgesOfTermsTest {
         int[] good = {1, 2, 19, 20};
         for (int n : good) {
             worldIs("epoch " + n + ";", 1);
-            due.is("count(3)", with("epoch " + n + ";").count(3), n);
+            due.is("count(3)", due.with("epoch " + n + ";").count(3), n);
         }
         worldFails("epoch 0;", 2, 6);
         worldFails("epoch 21;", 2, 6);
         worldFails("epoch 999;", 2, 6);
-        due.is("5 without", with("link 1;").count(3), 5);
+        due.is("5 without", due.with("link 1;").count(3), 5);
         due.is("5 without, behind one that was told", secondOf("epoch 7;", "link 1;").count(3), 5);
     }
 
@@ -333,16 +323,16 @@ public final class EdgesOfTermsTest {
         int[] good = {0, 1, 8, 9};
         for (int n : good) {
             worldIs("link " + n + ";", 1);
-            due.is("count(4)", with("link " + n + ";").count(4), n);
+            due.is("count(4)", due.with("link " + n + ";").count(4), n);
         }
         worldFails("link 10;", 2, 5);
         worldFails("link 999;", 2, 5);
-        due.is("2 without", with("epoch 1;").count(4), 2);
+        due.is("2 without", due.with("epoch 1;").count(4), 2);
         due.is("2 without, behind one that was told", secondOf("link 7;", "epoch 1;").count(4), 2);
     }
 
     private static AgreedInput secondOf(String first, String second) {
-        AgreedInput x = with(first);
+        AgreedInput x = due.with(first);
         due.is("world() of " + second, Due.world(x, second), 1);
         return x;
     }
@@ -407,21 +397,21 @@ public final class EdgesOfTermsTest {
         worldFails("site s;copy m 1 first;key a m 1;", 3, 28);
         worldFails("site s;key a 1 1;", 1, 13);
         // of the WORLD ahead nothing is told any more
-        AgreedInput x = with("site s;");
+        AgreedInput x = due.with("site s;");
         due.is("world()", Due.world(x, "key a s 1;"), -1 - 6);
         due.is("fault()", x.fault(), 3);
     }
 
     static void terms_worldWithoutCopyHasOneOf1WorkerFirst() {
         String begin = "site s;key a s 1;key b s 2;epoch 1;";
-        due.is("it is counted", with(begin).count(2), 1);
-        due.is("one with a NAME", with(begin + "copy m 1 last;").count(2), 1);
+        due.is("it is counted", due.with(begin).count(2), 1);
+        due.is("one with a NAME", due.with(begin + "copy m 1 last;").count(2), 1);
         workersTake(begin, 1, 0);
         workersTake(begin + "copy m 1 first;", 1, 0);
         workersTake(begin + "copy m 1 last;", 0, 1);
         workersTake(begin + "copy m 2 last;", 1, 1);
         // it has no NAME
-        AgreedInput x = with(begin);
+        AgreedInput x = due.with(begin);
         due.is("crash by a NAME", Due.book(x, 0, "crash m;"), -2 - 6);
         due.is("fault()", x.fault(), 3);
         due.is("value(0, 1)", x.value(0, 1), 2);
@@ -433,7 +423,7 @@ public final class EdgesOfTermsTest {
     }
 
     private static void workersTake(String world, int first, int second) {
-        takenNow(with(world), first, second);
+        takenNow(due.with(world), first, second);
     }
 
     private static void takenNow(AgreedInput x, int first, int second) {
@@ -448,33 +438,33 @@ public final class EdgesOfTermsTest {
 
     static void terms_transHas200BytesAtMost() {
         String one = "a = 1;";
-        transIs(one + times(194, " "), 1, 0);
-        transFails(one + times(195, " "), 1, 200);
-        transIs(times(194, "\n") + one, 1, 0);
-        transFails(times(195, "\n") + one, 1, 200);
-        transFails(times(200, " "), 1, 200);
-        transFails(times(201, " "), 1, 200);
-        transFails(times(199, " "), 1, 199);
-        transFails(one + times(934, " "), 1, 200);
+        transIs(one + Due.times(194, " "), 1, 0);
+        transFails(one + Due.times(195, " "), 1, 200);
+        transIs(Due.times(194, "\n") + one, 1, 0);
+        transFails(Due.times(195, "\n") + one, 1, 200);
+        transFails(Due.times(200, " "), 1, 200);
+        transFails(Due.times(201, " "), 1, 200);
+        transFails(Due.times(199, " "), 1, 199);
+        transFails(one + Due.times(934, " "), 1, 200);
     }
 
     static void terms_transHas1To6Steps() {
         transFails("", 1, 0);
         transFails(" ", 1, 1);
         for (int n = 1; n <= 6; n++) {
-            transIs(times(n, "a=1;"), n, 0);
-            transIs(times(n, "need a=1;"), n, 0);
+            transIs(Due.times(n, "a=1;"), n, 0);
+            transIs(Due.times(n, "need a=1;"), n, 0);
         }
-        transFails(times(7, "a=1;"), 4, 24);
-        transFails(times(6, "a=1;") + "need b=1;", 4, 24);
-        transFails(times(6, "a=1;") + "at b=1;", 4, 24);
-        transFails(times(6, "need a=1;") + "b", 4, 54);
-        transFails(times(6, "a=1;") + ";", 1, 24);
+        transFails(Due.times(7, "a=1;"), 4, 24);
+        transFails(Due.times(6, "a=1;") + "need b=1;", 4, 24);
+        transFails(Due.times(6, "a=1;") + "at b=1;", 4, 24);
+        transFails(Due.times(6, "need a=1;") + "b", 4, 54);
+        transFails(Due.times(6, "a=1;") + ";", 1, 24);
         for (int n = 0; n <= 999; n += 97) {
-            transFails(times(6, "a=1;") + n + "=1;", 1, 24);
+            transFails(Due.times(6, "a=1;") + n + "=1;", 1, 24);
         }
-        AgreedInput x = with("site s;key a s 1;key b s 1;key c s 1;");
-        due.is("a seventh STEP of the last KEY", Due.submit(x, 0, times(6, "a=1;") + "c=1;"), -26);
+        AgreedInput x = due.with("site s;key a s 1;key b s 1;key c s 1;");
+        due.is("a seventh STEP of the last KEY", Due.submit(x, 0, Due.times(6, "a=1;") + "c=1;"), -26);
         due.is("fault()", x.fault(), 4);
         due.is("a fifth TERM of the last KEY", Due.submit(x, 0, "a=1+1+1+1+c;"), -12);
         due.is("fault()", x.fault(), 4);
@@ -560,24 +550,24 @@ public final class EdgesOfTermsTest {
     // ---- a BOOK
 
     static void terms_bookHas400BytesAtMost() {
-        bookIs("tick 1;" + times(393, " "), -1);
-        bookFails("tick 1;" + times(394, " "), 1, 400);
-        bookIs(times(393, "\n") + "tick 1;", -1);
-        bookFails(times(394, "\n") + "tick 1;", 1, 400);
-        bookIs(times(400, " "), -1);
-        bookFails(times(401, " "), 1, 400);
+        bookIs("tick 1;" + Due.times(393, " "), -1);
+        bookFails("tick 1;" + Due.times(394, " "), 1, 400);
+        bookIs(Due.times(393, "\n") + "tick 1;", -1);
+        bookFails(Due.times(394, "\n") + "tick 1;", 1, 400);
+        bookIs(Due.times(400, " "), -1);
+        bookFails(Due.times(401, " "), 1, 400);
     }
 
     static void terms_bookHas0To40Lines() {
         bookIs("", -1);
         bookIs("tick 1;", -1);
-        bookIs(times(39, "tick 1;"), -1);
-        bookIs(times(40, "tick 1;"), -1);
-        bookFails(times(41, "tick 1;"), 4, 280);
-        bookFails(times(40, "tick 1;") + "check", 4, 280);
-        bookFails(times(40, "tick 1;") + "crash", 4, 280);
-        bookFails(times(40, "tick 1;") + "put", 4, 280);
-        bookFails(times(40, "tick 1;") + "site", 1, 280);
+        bookIs(Due.times(39, "tick 1;"), -1);
+        bookIs(Due.times(40, "tick 1;"), -1);
+        bookFails(Due.times(41, "tick 1;"), 4, 280);
+        bookFails(Due.times(40, "tick 1;") + "check", 4, 280);
+        bookFails(Due.times(40, "tick 1;") + "crash", 4, 280);
+        bookFails(Due.times(40, "tick 1;") + "put", 4, 280);
+        bookFails(Due.times(40, "tick 1;") + "site", 1, 280);
     }
 
     static void terms_bookPutIs0To23() {
@@ -615,15 +605,15 @@ public final class EdgesOfTermsTest {
     }
 
     static void terms_bookNamesTheLastOfEachSort() {
-        AgreedInput x = with("site s;site t;site u;");
+        AgreedInput x = due.with("site s;site t;site u;");
         due.is("a SITE where there is one COPY", Due.book(x, 0, "tick 1; put u 0;"), 1);
         due.is("told(0)", x.told(0), 9);
-        AgreedInput y = with("site s;copy m 1 first;copy n 1 last;copy o 1 first;");
+        AgreedInput y = due.with("site s;copy m 1 first;copy n 1 last;copy o 1 first;");
         due.is("a COPY where there is one SITE", Due.book(y, 0, "tick 1; crash o;"), 1);
         due.is("told(0)", y.told(0), 21);
         due.is("a COPY is no SITE", Due.book(y, 0, "put m 0;"), -2 - 4);
         due.is("fault()", y.fault(), 3);
-        AgreedInput z = with("copy m 1 first;copy n 1 last;copy o 1 first;");
+        AgreedInput z = due.with("copy m 1 first;copy n 1 last;copy o 1 first;");
         due.is("a COPY without SITES", Due.book(z, 0, "check; crash o;"), 1);
         due.is("told(0)", z.told(0), 21);
     }
@@ -643,37 +633,37 @@ public final class EdgesOfTermsTest {
     // ---- a SENTENCE
 
     static void terms_sentenceHas200BytesAtMost() {
-        sentenceIs("done" + times(196, " "), 1);
-        sentenceFails("done" + times(197, " "), 1, 200);
-        sentenceIs(times(196, "\n") + "done", 1);
-        sentenceFails(times(197, "\n") + "done", 1, 200);
-        sentenceFails(times(200, " "), 1, 200);
-        sentenceFails(times(201, " "), 1, 200);
+        sentenceIs("done" + Due.times(196, " "), 1);
+        sentenceFails("done" + Due.times(197, " "), 1, 200);
+        sentenceIs(Due.times(196, "\n") + "done", 1);
+        sentenceFails(Due.times(197, "\n") + "done", 1, 200);
+        sentenceFails(Due.times(200, " "), 1, 200);
+        sentenceFails(Due.times(201, " "), 1, 200);
     }
 
     static void terms_sentenceHas1To20Ones() {
         sentenceFails("", 1, 0);
         sentenceFails("  ", 1, 2);
         sentenceIs("done", 1);
-        sentenceIs("wide" + times(18, " or wide"), 19);
-        sentenceIs("wide" + times(19, " or wide"), 20);
-        sentenceFails("wide" + times(20, " or wide"), 4, 4 + 19 * 8 + 4);
-        sentenceIs("wide" + times(19, " and wide"), 20);
-        sentenceFails("wide" + times(20, " and wide"), 4, 4 + 19 * 9 + 5);
+        sentenceIs("wide" + Due.times(18, " or wide"), 19);
+        sentenceIs("wide" + Due.times(19, " or wide"), 20);
+        sentenceFails("wide" + Due.times(20, " or wide"), 4, 4 + 19 * 8 + 4);
+        sentenceIs("wide" + Due.times(19, " and wide"), 20);
+        sentenceFails("wide" + Due.times(20, " and wide"), 4, 4 + 19 * 9 + 5);
         // each not and each bracket is one of them
-        sentenceIs("not wide" + times(9, " or not wide"), 20);
-        sentenceFails("not wide" + times(9, " or not wide") + " or wide", 4, 8 + 9 * 12 + 4);
-        sentenceIs("(wide)" + times(9, " or(wide)"), 20);
-        sentenceFails("(wide)" + times(9, " or(wide)") + " or(wide)", 4, 6 + 9 * 9 + 3);
-        sentenceIs("wide" + times(9, " or not wide"), 19);
-        sentenceFails("wide" + times(9, " or not wide") + " or not wide", 4, 4 + 9 * 12 + 8);
+        sentenceIs("not wide" + Due.times(9, " or not wide"), 20);
+        sentenceFails("not wide" + Due.times(9, " or not wide") + " or wide", 4, 8 + 9 * 12 + 4);
+        sentenceIs("(wide)" + Due.times(9, " or(wide)"), 20);
+        sentenceFails("(wide)" + Due.times(9, " or(wide)") + " or(wide)", 4, 6 + 9 * 9 + 3);
+        sentenceIs("wide" + Due.times(9, " or not wide"), 19);
+        sentenceFails("wide" + Due.times(9, " or not wide") + " or not wide", 4, 4 + 9 * 12 + 8);
     }
 
     static void terms_sentenceHas8OnesWithinOneAnother() {
-        sentenceIs(times(7, "(") + "wide" + times(7, ")"), 8);
-        sentenceFails(times(8, "(") + "wide" + times(8, ")"), 4, 8);
-        sentenceIs(times(7, "not ") + "wide", 8);
-        sentenceFails(times(8, "not ") + "wide", 4, 32);
+        sentenceIs(Due.times(7, "(") + "wide" + Due.times(7, ")"), 8);
+        sentenceFails(Due.times(8, "(") + "wide" + Due.times(8, ")"), 4, 8);
+        sentenceIs(Due.times(7, "not ") + "wide", 8);
+        sentenceFails(Due.times(8, "not ") + "wide", 4, 32);
         sentenceIs("not(not(not(not wide)))", 8);
         sentenceFails("not(not(not(not(wide))))", 4, 16);
         sentenceFails("not(not(not(not not wide)))", 4, 20);
@@ -741,33 +731,33 @@ public final class EdgesOfTermsTest {
 
     static void terms_faultOfTooManyBytesIsAtTheMost() {
         // a TOKEN that begins ahead of the most is read whole, one behind it is not read
-        worldFails(times(899, " ") + "site", 1, 900);
-        worldFails(times(899, " ") + "sites", 1, 899);
-        worldFails(times(899, " ") + "a", 1, 899);
-        worldFails(times(900, " ") + "#", 1, 900);
-        worldFails(times(899, " ") + "#", 1, 899);
-        worldFails("site" + times(895, " ") + "abcdefg;", 1, 900);
-        worldFails("site" + times(895, " ") + "abcdefgh;", 1, 899);
-        worldFails("site" + times(896, " ") + "abcdefgh;", 1, 900);
-        transFails("a=" + times(197, " ") + "123;", 1, 200);
-        transFails("a=" + times(197, " ") + "1234;", 1, 199);
-        transFails("a=" + times(198, " ") + "1234;", 1, 200);
-        transFails(times(199, " ") + "abc", 3, 199);
-        transFails(times(200, " ") + "abc", 1, 200);
-        bookFails("tick" + times(395, " ") + "60;", 1, 400);
-        bookFails("tick" + times(395, " ") + "61;", 2, 399);
-        bookFails("tick" + times(396, " ") + "61;", 1, 400);
-        sentenceFails("reads" + times(194, " ") + "aa", 3, 199);
-        sentenceFails("reads" + times(195, " ") + "aa", 1, 200);
-        sentenceFails(times(199, " ") + "wide", 1, 200);
+        worldFails(Due.times(899, " ") + "site", 1, 900);
+        worldFails(Due.times(899, " ") + "sites", 1, 899);
+        worldFails(Due.times(899, " ") + "a", 1, 899);
+        worldFails(Due.times(900, " ") + "#", 1, 900);
+        worldFails(Due.times(899, " ") + "#", 1, 899);
+        worldFails("site" + Due.times(895, " ") + "abcdefg;", 1, 900);
+        worldFails("site" + Due.times(895, " ") + "abcdefgh;", 1, 899);
+        worldFails("site" + Due.times(896, " ") + "abcdefgh;", 1, 900);
+        transFails("a=" + Due.times(197, " ") + "123;", 1, 200);
+        transFails("a=" + Due.times(197, " ") + "1234;", 1, 199);
+        transFails("a=" + Due.times(198, " ") + "1234;", 1, 200);
+        transFails(Due.times(199, " ") + "abc", 3, 199);
+        transFails(Due.times(200, " ") + "abc", 1, 200);
+        bookFails("tick" + Due.times(395, " ") + "60;", 1, 400);
+        bookFails("tick" + Due.times(395, " ") + "61;", 2, 399);
+        bookFails("tick" + Due.times(396, " ") + "61;", 1, 400);
+        sentenceFails("reads" + Due.times(194, " ") + "aa", 3, 199);
+        sentenceFails("reads" + Due.times(195, " ") + "aa", 1, 200);
+        sentenceFails(Due.times(199, " ") + "wide", 1, 200);
     }
 
     static void terms_faultAheadOfTheMostIsTheFirst() {
-        worldFails("epoch 0;" + times(932, " "), 2, 6);
-        worldFails("link 1;link 1;" + times(900, " "), 3, 7);
-        transFails("c = 1;" + times(400, " "), 3, 0);
-        bookFails("tick 61;" + times(500, " "), 2, 5);
-        sentenceFails("done done" + times(300, " "), 1, 5);
+        worldFails("epoch 0;" + Due.times(932, " "), 2, 6);
+        worldFails("link 1;link 1;" + Due.times(900, " "), 3, 7);
+        transFails("c = 1;" + Due.times(400, " "), 3, 0);
+        bookFails("tick 61;" + Due.times(500, " "), 2, 5);
+        sentenceFails("done done" + Due.times(300, " "), 1, 5);
     }
 
     static void terms_faultIsTheFirstAlongTheText() {
@@ -784,37 +774,37 @@ public final class EdgesOfTermsTest {
 
     static void terms_faultOfOneTokenIsTheLeast() {
         // a seventh STEP, a fifth TERM, a 41st LINE, a 21st ONE, a ninth within that can't begin so, or with such a NAME
-        transFails(times(6, "a=1;") + "c=1;", 3, 24);
-        transFails(times(6, "a=1;") + "s=1;", 3, 24);
-        transFails(times(6, "a=1;") + "1=1;", 1, 24);
-        transFails(times(6, "a=1;") + "tick", 1, 24);
-        transFails(times(6, "a=1;") + "#", 1, 24);
+        transFails(Due.times(6, "a=1;") + "c=1;", 3, 24);
+        transFails(Due.times(6, "a=1;") + "s=1;", 3, 24);
+        transFails(Due.times(6, "a=1;") + "1=1;", 1, 24);
+        transFails(Due.times(6, "a=1;") + "tick", 1, 24);
+        transFails(Due.times(6, "a=1;") + "#", 1, 24);
         transFails("a=1+1+1+1+c;", 3, 10);
         transFails("a=1+1+1+1+m;", 3, 10);
         transFails("a=1+1+1+1+1000;", 1, 10);
         transFails("a=1+1+1+1+need;", 1, 10);
         transFails("a=1+1+1+1+", 1, 10);
-        bookFails(times(40, "check;") + "a", 1, 240);
-        bookFails(times(40, "check;") + ";", 1, 240);
-        bookFails(times(40, "check;") + "abcdefgh", 1, 240);
-        sentenceFails("wide" + times(19, " or wide") + " or ", 1, 4 + 19 * 8 + 4);
-        sentenceFails("wide" + times(19, " or wide") + " or a", 1, 4 + 19 * 8 + 4);
-        sentenceFails("wide" + times(19, " or wide") + " or )", 1, 4 + 19 * 8 + 4);
-        sentenceFails(times(8, "(") + ")", 1, 8);
-        sentenceFails(times(8, "(") + "or", 1, 8);
-        sentenceFails(times(8, "("), 1, 8);
+        bookFails(Due.times(40, "check;") + "a", 1, 240);
+        bookFails(Due.times(40, "check;") + ";", 1, 240);
+        bookFails(Due.times(40, "check;") + "abcdefgh", 1, 240);
+        sentenceFails("wide" + Due.times(19, " or wide") + " or ", 1, 4 + 19 * 8 + 4);
+        sentenceFails("wide" + Due.times(19, " or wide") + " or a", 1, 4 + 19 * 8 + 4);
+        sentenceFails("wide" + Due.times(19, " or wide") + " or )", 1, 4 + 19 * 8 + 4);
+        sentenceFails(Due.times(8, "(") + ")", 1, 8);
+        sentenceFails(Due.times(8, "(") + "or", 1, 8);
+        sentenceFails(Due.times(8, "("), 1, 8);
         // a NAME that is told twice, where there is one more than there may be
         worldFails("site p;site q;site r;site p;", 4, 21);
     }
 
     static void terms_faultOfOneMoreIsAtItsFirstToken() {
         worldFails("site p;site q;site r;\nsite\nu;", 4, 22);
-        transFails(times(6, "a=1;") + " need a=1;", 4, 25);
+        transFails(Due.times(6, "a=1;") + " need a=1;", 4, 25);
         transFails("a=1+1+1+1+ at b;", 4, 11);
-        bookFails(times(40, "check;") + " put s 0;", 4, 241);
-        sentenceFails("wide" + times(19, " or wide") + " or reads a", 4, 4 + 19 * 8 + 4);
-        sentenceFails("wide" + times(19, " or wide") + " or reads c", 4, 4 + 19 * 8 + 4);
-        sentenceFails(times(8, "(") + " place < 3", 4, 9);
+        bookFails(Due.times(40, "check;") + " put s 0;", 4, 241);
+        sentenceFails("wide" + Due.times(19, " or wide") + " or reads a", 4, 4 + 19 * 8 + 4);
+        sentenceFails("wide" + Due.times(19, " or wide") + " or reads c", 4, 4 + 19 * 8 + 4);
+        sentenceFails(Due.times(8, "(") + " place < 3", 4, 9);
     }
 
     public static void main(String[] args) {

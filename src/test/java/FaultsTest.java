@@ -3,14 +3,6 @@ public final class FaultsTest {
     private static final Due due = new Due("FaultsTest");
     private static final String WORLD = "site s; site t; key a s 1; key b t 2; copy m 1 first;";
 
-    private static String times(int n, String part) {
-        StringBuilder text = new StringBuilder();
-        for (int i = 0; i < n; i++) {
-            text.append(part);
-        }
-        return text.toString();
-    }
-
     private static void world(String text, int kind, int place) {
         AgreedInput x = new AgreedInput();
         due.is("world() of " + text, Due.world(x, text), -1 - place);
@@ -100,11 +92,11 @@ public final class FaultsTest {
         due.is("TOKENS without blanks", Due.world(x, "site s;key abcdefg s 000;copy m 4 last;epoch 001;link\n9;"), 5);
         due.is("a NUMBER with 0 ahead", x.count(3), 1);
         due.is("a WORD goes on as long as digits do", Due.world(x, "epoch1;"), -1);
-        due.is("a TOKEN as long as the text may be", Due.world(x, times(940, "a")), -1);
+        due.is("a TOKEN as long as the text may be", Due.world(x, Due.times(940, "a")), -1);
         due.is("fault()", x.fault(), 1);
-        due.is("940 blanks", Due.world(x, times(940, " ")), -901);
-        due.is("a FAULT ahead of the end", Due.world(x, "site" + times(930, " ")), -901);
-        due.is("a FAULT that is ahead", Due.world(x, "sit " + times(930, " ")), -1);
+        due.is("940 blanks", Due.world(x, Due.times(940, " ")), -901);
+        due.is("a FAULT ahead of the end", Due.world(x, "site" + Due.times(930, " ")), -901);
+        due.is("a FAULT that is ahead", Due.world(x, "sit " + Due.times(930, " ")), -1);
     }
 
     private static String tenKeys() {
@@ -166,14 +158,14 @@ public final class FaultsTest {
         trans(six + ";", 1, 24);
         trans(six + "site", 1, 24);
         trans(six + "a1", 1, 24);
-        trans(times(201, " "), 1, 200);
-        trans("a=1;" + times(195, " ") + "b=1;", 1, 200);
-        trans(times(199, " ") + "abc", 3, 199);
+        trans(Due.times(201, " "), 1, 200);
+        trans("a=1;" + Due.times(195, " ") + "b=1;", 1, 200);
+        trans(Due.times(199, " ") + "abc", 3, 199);
         fine(six);
         fine("at a = at a + at a - at b;");
         fine("need at a > at b;");
         fine("a=b+b-b+999;");
-        fine("a = 1;" + times(194, "\n"));
+        fine("a = 1;" + Due.times(194, "\n"));
     }
 
     private static void books() {
@@ -198,14 +190,14 @@ public final class FaultsTest {
         book("ticks 1;", 1, 0);
         book("s;", 1, 0);
         book(";", 1, 0);
-        String forty = times(40, "check;");
+        String forty = Due.times(40, "check;");
         book(forty + "check;", 4, 240);
         book(forty + "put", 4, 240);
         book(forty + "s", 1, 240);
         book(forty + "1", 1, 240);
-        book(times(401, " "), 1, 400);
-        book(times(396, " ") + "check", 1, 400);
-        book(times(398, " ") + "check;", 1, 400);
+        book(Due.times(401, " "), 1, 400);
+        book(Due.times(396, " ") + "check", 1, 400);
+        book(Due.times(398, " ") + "check;", 1, 400);
         AgreedInput x = ready();
         due.is("the COPY without a NAME can't be told", Due.world(x, "site s;"), 1);
         due.is("crash of none", Due.book(x, 0, "crash s;"), -2 - 6);
@@ -242,21 +234,21 @@ public final class FaultsTest {
         sentence("check", 1, 0);
         sentence("a", 1, 0);
         sentence("done.", 1, 4);
-        String twenty = "done" + times(19, " or done");
+        String twenty = "done" + Due.times(19, " or done");
         sentence(twenty + " or done", 4, twenty.length() + 4);
         sentence(twenty + " or (", 4, twenty.length() + 4);
         sentence(twenty + " or not", 4, twenty.length() + 4);
         sentence(twenty + " or x", 1, twenty.length() + 4);
         sentence(twenty + " or", 1, twenty.length() + 3);
-        sentence(times(8, "(") + "done" + times(8, ")"), 4, 8);
-        sentence(times(8, "(") + "not", 4, 8);
-        sentence(times(8, "(") + "a", 1, 8);
-        sentence(times(8, "not ") + "done", 4, 32);
+        sentence(Due.times(8, "(") + "done" + Due.times(8, ")"), 4, 8);
+        sentence(Due.times(8, "(") + "not", 4, 8);
+        sentence(Due.times(8, "(") + "a", 1, 8);
+        sentence(Due.times(8, "not ") + "done", 4, 32);
         sentence("done or (((((((done or (done)))))))))", 4, 24);
-        sentence(times(201, " "), 1, 200);
-        sentence(times(197, " ") + "done", 1, 200);
+        sentence(Due.times(201, " "), 1, 200);
+        sentence(Due.times(197, " ") + "done", 1, 200);
         AgreedInput x = ready();
-        due.is("8 within one another", Due.sentence(x, times(7, "(") + "done" + times(7, ")")), 8);
+        due.is("8 within one another", Due.sentence(x, Due.times(7, "(") + "done" + Due.times(7, ")")), 8);
         due.is("depth counts by itself", Due.sentence(x, "not not not not not not not done and not not not not not not not done"), 16);
         due.is("NUMBERS of any size", Due.sentence(x, "place<999 and(tries=0)or trans>00"), 4);
     }

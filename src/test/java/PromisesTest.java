@@ -11,29 +11,6 @@ public final class PromisesTest {
     /** One SITE, one COPY of 4 WORKERS, an EPOCH each TICK. */
     private static final String ONE_SITE = "site s; key a s 1; key b s 2; key c s 3; copy m 4 first; epoch 1; link 0;";
 
-    private static AgreedInput with(String world) {
-        AgreedInput x = new AgreedInput();
-        due.is("world() of " + world, Due.world(x, world) >= 0, true);
-        return x;
-    }
-
-    /** With each of the TRANS at SITE 0. */
-    private static AgreedInput with(String world, String... transes) {
-        AgreedInput x = with(world);
-        for (int n = 0; n < transes.length; n++) {
-            due.is("submit() of " + transes[n], Due.submit(x, 0, transes[n]), n);
-        }
-        return x;
-    }
-
-    private static String times(int n, String part) {
-        StringBuilder text = new StringBuilder();
-        for (int i = 0; i < n; i++) {
-            text.append(part);
-        }
-        return text.toString();
-    }
-
     private static void newObject() {
         AgreedInput x = new AgreedInput();
         int[] counts = {0, 0, 1, 5, 2, 0};
@@ -131,12 +108,12 @@ public final class PromisesTest {
         due.is("count(1)", x.count(1), 10);
         due.is("key(9, 1)", x.key(9, 1), 999);
         due.is("value(2, 9)", x.value(2, 9), 999);
-        String blanks = full + times(900 - full.length(), " ");
+        String blanks = full + Due.times(900 - full.length(), " ");
         due.is("900 bytes", Due.world(x, blanks), 18);
         due.is("901 bytes", Due.world(x, blanks + "\n"), -901);
         due.is("fault()", x.fault(), 1);
-        due.is("a TOKEN over the end is read whole", Due.world(x, times(899, " ") + "site"), -901);
-        due.is("one that is none counts ahead", Due.world(x, times(899, " ") + "sitesites"), -900);
+        due.is("a TOKEN over the end is read whole", Due.world(x, Due.times(899, " ") + "site"), -901);
+        due.is("one that is none counts ahead", Due.world(x, Due.times(899, " ") + "sitesites"), -900);
     }
 
     private static String keys(int n) {
@@ -172,7 +149,7 @@ public final class PromisesTest {
     }
 
     private static void submit() {
-        AgreedInput x = with(TWO_SITES);
+        AgreedInput x = due.with(TWO_SITES);
         due.is("submit(0)", Due.submit(x, 0, "a = 1;"), 0);
         due.is("the tape is empty", x.count(5), 0);
         due.is("submit(1)", Due.submit(x, 1, "a = a + 1; need b < 9; c = a - b + 3 - 1;"), 1);
@@ -190,8 +167,8 @@ public final class PromisesTest {
         due.is("nothing", Due.submit(x, 0, ""), -2);
         due.is("blanks", Due.submit(x, 0, "  "), -4);
         String six = "a=1;b=2;c=3;a=4;b=5;need a=4;";
-        due.is("200 bytes", Due.submit(x, 0, six + times(200 - six.length(), " ")), 3);
-        due.is("201 bytes", Due.submit(x, 0, six + times(201 - six.length(), " ")), -202);
+        due.is("200 bytes", Due.submit(x, 0, six + Due.times(200 - six.length(), " ")), 3);
+        due.is("201 bytes", Due.submit(x, 0, six + Due.times(201 - six.length(), " ")), -202);
         for (int n = 4; n < 24; n++) {
             due.is("submit(0)", Due.submit(x, 0, "a = 1;"), n);
         }
@@ -201,7 +178,7 @@ public final class PromisesTest {
     }
 
     private static void put() {
-        AgreedInput x = with(TWO_SITES, "at b = a; need c > 2;");
+        AgreedInput x = due.with(TWO_SITES, "at b = a; need c > 2;");
         due.is("put(1, 0)", x.put(1, 0), 0);
         due.is("now(1)", x.now(1), 2);
         due.is("its SITE", x.trans(1, 0), 1);
@@ -224,7 +201,7 @@ public final class PromisesTest {
     }
 
     private static void check() {
-        AgreedInput x = with(ONE_SITE, "a = 10;", "b = 20; c = 30;");
+        AgreedInput x = due.with(ONE_SITE, "a = 10;", "b = 20; c = 30;");
         x.ticks(1);
         due.is("check()", x.check(), 0);
         due.is("one is on", x.check(), 1);
@@ -255,7 +232,7 @@ public final class PromisesTest {
         AgreedInput without = new AgreedInput();
         due.is("without KEYS", without.check(), 0);
         due.is("it is the CHECKPOINT at once", without.now(4), 0);
-        AgreedInput slow = with("site s; site t; key a s 1; key b t 2; epoch 1; link 4;", "a = b;");
+        AgreedInput slow = due.with("site s; site t; key a s 1; key b t 2; epoch 1; link 4;", "a = b;");
         slow.ticks(1);
         slow.check();
         slow.ticks(4);
@@ -265,7 +242,7 @@ public final class PromisesTest {
     }
 
     private static void crash() {
-        AgreedInput x = with(ONE_SITE, "a = 10;", "b = a + 1; need c = 3;", "need c = 4;");
+        AgreedInput x = due.with(ONE_SITE, "a = 10;", "b = a + 1; need c = 3;", "need c = 4;");
         due.is("no ENTRY in the ORDER", x.crash(0), 1);
         due.is("crash(1)", x.crash(1), NONE);
         due.is("crash(-1)", x.crash(-1), NONE);
@@ -295,7 +272,7 @@ public final class PromisesTest {
         due.is("a CHECK that is on is given up", x.now(4), 0);
         due.is("POINT of the CHECKPOINT", x.now(8), 3);
 
-        AgreedInput two = with(TWO_SITES, "c = 1; a = 2;");
+        AgreedInput two = due.with(TWO_SITES, "c = 1; a = 2;");
         two.ticks(3);
         due.is("how(1, 0)", two.how(1, 0), 1);
         two.check();
@@ -313,7 +290,7 @@ public final class PromisesTest {
     }
 
     private static void ticks() {
-        AgreedInput x = with(TWO_SITES);
+        AgreedInput x = due.with(TWO_SITES);
         due.is("ticks(0)", x.ticks(0), NONE);
         due.is("ticks(61)", x.ticks(61), NONE);
         due.is("ticks(-1)", x.ticks(-1), NONE);
@@ -337,7 +314,7 @@ public final class PromisesTest {
     /** In which order all that a TICK does is done. */
     private static void order() {
         // an EPOCH ends in the last TICK of it, and what is ready then goes in the next one
-        AgreedInput x = with(TWO_SITES, "a = a + 1;", "b = 2;", "c = 1; a = 2;");
+        AgreedInput x = due.with(TWO_SITES, "a = a + 1;", "b = 2;", "c = 1; a = 2;");
         Due.submit(x, 1, "c = c + 1;");
         x.ticks(1);
         due.is("now(2)", x.now(2), 0);
@@ -367,20 +344,20 @@ public final class PromisesTest {
         due.is("how(0, 3)", x.how(0, 3), 2);
 
         // who was not READY ahead of the taking is not taken in that TICK
-        AgreedInput y = with(ONE_SITE, "a = 1;", "a = 2;", "a = 3;");
+        AgreedInput y = due.with(ONE_SITE, "a = 1;", "a = 2;", "a = 3;");
         y.ticks(2);
         due.is("how(0, 0)", y.how(0, 0), 2);
         due.is("how(0, 1)", y.how(0, 1), 0);
 
         // WORKERS who have sent one off are free in the next TICK
-        AgreedInput z = with("site s; site t; key a s 1; key b s 2; key c t 3; copy m 1 first; epoch 1; link 9;", "a = c;", "b = c;");
+        AgreedInput z = due.with("site s; site t; key a s 1; key b s 2; key c t 3; copy m 1 first; epoch 1; link 9;", "a = c;", "b = c;");
         z.ticks(3);
         due.is("how(0, 0)", z.how(0, 0), 1);
         due.is("how(0, 1)", z.how(0, 1), 1);
     }
 
     private static void arithmetic() {
-        AgreedInput x = with("site s; key a s 999; key b s 0; key i s 5; copy m 4 first; epoch 1;",
+        AgreedInput x = due.with("site s; key a s 999; key b s 0; key i s 5; copy m 4 first; epoch 1;",
             "a = a + a + a + a; a = a + a + a + a; a = a + a + a + a; a = a + a + a + a; a = a + a + a + a; a = a + a + a + a;",
             "a = a + a + a + a; a = a + a + a + a; a = a + a + a + a; a = a + a + a + a; a = a + a + a + a; a = a + a + a + a;",
             "b = 0 - 5; b = b - 999 - b;", "i = 0 - 4;", "at i = 50;");
@@ -391,7 +368,7 @@ public final class PromisesTest {
         due.is("foreseen(4, 0)", x.foreseen(4, 0), 2);
         due.is("a KEY by a VALUE below 0", x.value(0, 2), 50);
 
-        AgreedInput y = with(ONE_SITE, "a = 9; need a = 9; b = a + 1; need b > a; need a < b;", "c = 9; need a < 9;",
+        AgreedInput y = due.with(ONE_SITE, "a = 9; need a = 9; b = a + 1; need b > a; need a < b;", "c = 9; need a < 9;",
             "need a > 9; c = 8;", "need a = 8; c = 8;");
         y.ticks(5);
         due.is("what STEPS gave goes ahead of VALUES", y.value(0, 1), 10);
@@ -405,7 +382,7 @@ public final class PromisesTest {
     private static void retried() {
         // i is 1: at i is j
         String world = "site s; key i s 1; key j s 20; key k s 30; copy m 1 first; copy n 1 first; epoch 2;";
-        AgreedInput x = with(world, "i = 2;", "at i = at i + 1;");
+        AgreedInput x = due.with(world, "i = 2;", "at i = at i + 1;");
         x.ticks(2);
         due.is("foreseen(1, 0)", x.foreseen(1, 0), 1);
         due.is("foreseen(1, 1)", x.foreseen(1, 1), 1);
@@ -431,7 +408,7 @@ public final class PromisesTest {
         due.is("same()", x.same(), 1);
 
         // an 'at' ahead of '=' alone READS its index, and is what was FORESEEN even if a STEP changes the index
-        AgreedInput y = with(world, "i = 2; at i = 5;");
+        AgreedInput y = due.with(world, "i = 2; at i = 5;");
         y.ticks(3);
         due.is("value(0, 0)", y.value(0, 0), 2);
         due.is("value(0, 1)", y.value(0, 1), 5);
@@ -439,7 +416,7 @@ public final class PromisesTest {
     }
 
     private static void undo() {
-        AgreedInput x = with(ONE_SITE);
+        AgreedInput x = due.with(ONE_SITE);
         due.is("undo()", x.undo(), NONE);
         Due.submit(x, 0, "a = 9; b = 8;");
         x.put(0, 0);
@@ -504,7 +481,7 @@ public final class PromisesTest {
     }
 
     private static void now() {
-        AgreedInput x = with(TWO_SITES, "a = 1;", "b = 1;");
+        AgreedInput x = due.with(TWO_SITES, "a = 1;", "b = 1;");
         x.ticks(3);
         x.put(1, 0);
         x.check();
@@ -519,7 +496,7 @@ public final class PromisesTest {
     }
 
     private static void value() {
-        AgreedInput x = with(TWO_SITES, "a = 12;");
+        AgreedInput x = due.with(TWO_SITES, "a = 12;");
         due.is("value(0, 0)", x.value(0, 0), 5);
         due.is("value(1, 2)", x.value(1, 2), 9);
         x.ticks(3);
@@ -531,7 +508,7 @@ public final class PromisesTest {
     }
 
     private static void key() {
-        AgreedInput x = with(TWO_SITES, "a = 12; b = 13;");
+        AgreedInput x = due.with(TWO_SITES, "a = 12; b = 13;");
         due.is("key(2, 0)", x.key(2, 0), 1);
         due.is("key(1, 0)", x.key(1, 0), 0);
         due.is("key(1, 1)", x.key(1, 1), 7);
@@ -540,7 +517,7 @@ public final class PromisesTest {
         x.check();
         due.throwsNoSuch("key(1, 3)", () -> x.key(1, 3));
         // POINT 0 is asked for ahead of the EPOCH's end, so the ENTRY is behind it; a is TAKEN then, b not
-        AgreedInput y = with(ONE_SITE, "a = 12; c = 13;");
+        AgreedInput y = due.with(ONE_SITE, "a = 12; c = 13;");
         y.check();
         y.ticks(1);
         due.is("now(6)", y.now(6), 1);
@@ -576,7 +553,7 @@ public final class PromisesTest {
     }
 
     private static void trans() {
-        AgreedInput x = with(TWO_SITES, "a = 1; b = at a; at b = at c; need at a = 3;");
+        AgreedInput x = due.with(TWO_SITES, "a = 1; b = at a; at b = at c; need at a = 3;");
         Due.submit(x, 1, "c = 1;");
         int[] first = {0, 4, 1, NONE, 4, NONE};
         int[] second = {1, 1, 1, NONE, 0, NONE};
@@ -594,7 +571,7 @@ public final class PromisesTest {
     }
 
     private static void arrived() {
-        AgreedInput x = with(TWO_SITES, "a = 1;");
+        AgreedInput x = due.with(TWO_SITES, "a = 1;");
         Due.submit(x, 1, "a = 2;");
         Due.submit(x, 0, "a = 3;");
         due.is("arrived(0, 0)", x.arrived(0, 0), 0);
@@ -612,7 +589,7 @@ public final class PromisesTest {
     }
 
     private static void entry() {
-        AgreedInput x = with(TWO_SITES, "a = b + 1;", "need b > 3; b = b + c;", "need b = 2;");
+        AgreedInput x = due.with(TWO_SITES, "a = b + 1;", "need b > 3; b = b + c;", "need b = 2;");
         Due.submit(x, 1, "c = c + at b;");
         x.ticks(2);
         int[][] entries = {
@@ -631,7 +608,7 @@ public final class PromisesTest {
     }
 
     private static void how() {
-        AgreedInput x = with(TWO_SITES, "a = c;", "need b = 0;", "b = 1;");
+        AgreedInput x = due.with(TWO_SITES, "a = c;", "need b = 0;", "b = 1;");
         x.ticks(2);
         due.is("how(0, 0)", x.how(0, 0), 0);
         x.ticks(1);
@@ -650,7 +627,7 @@ public final class PromisesTest {
     }
 
     private static void foreseen() {
-        AgreedInput x = with(TWO_SITES, "at a = at c; need at b = 1;", "a = 1;");
+        AgreedInput x = due.with(TWO_SITES, "at a = at c; need at b = 1;", "a = 1;");
         due.is("nothing is in the ORDER", x.foreseen(0, 0), NONE);
         x.ticks(2);
         due.is("5 modulo 3", x.foreseen(0, 0), 2);
@@ -665,7 +642,7 @@ public final class PromisesTest {
     }
 
     private static void asks() {
-        AgreedInput x = with(TWO_SITES, "need a = 5;", "a = b;", "need b = 7; c = a;");
+        AgreedInput x = due.with(TWO_SITES, "need a = 5;", "a = b;", "need b = 7; c = a;");
         x.ticks(2);
         due.is("asks(0, 0, 0)", x.asks(0, 0, 0), 0);
         due.is("asks(0, 0, 1)", x.asks(0, 0, 1), 3);
@@ -688,7 +665,7 @@ public final class PromisesTest {
     }
 
     private static void ready() {
-        AgreedInput x = with(TWO_SITES, "need a = 5;", "need a = 5; b = 1;", "a = 1;", "need c = 1;");
+        AgreedInput x = due.with(TWO_SITES, "need a = 5;", "need a = 5; b = 1;", "a = 1;", "need c = 1;");
         x.ticks(2);
         due.is("ready(0, 0)", x.ready(0, 0), 0);
         due.is("who READ may be together", x.ready(0, 1), 1);
@@ -707,7 +684,7 @@ public final class PromisesTest {
     }
 
     private static void waits() {
-        AgreedInput x = with(TWO_SITES, "a = c;", "b = 1;", "a = 2; b = 3;", "need a = 1;");
+        AgreedInput x = due.with(TWO_SITES, "a = c;", "b = 1;", "a = 2; b = 3;", "need a = 1;");
         x.ticks(2);
         due.is("waits(0, 0)", x.waits(0, 0), 0);
         due.is("waits(0, 1)", x.waits(0, 1), 0);
@@ -726,7 +703,7 @@ public final class PromisesTest {
     }
 
     private static void serial() {
-        AgreedInput x = with(TWO_SITES, "a = a + b;", "need a = 12; b = a;", "need a = 13; c = 1;");
+        AgreedInput x = due.with(TWO_SITES, "a = a + b;", "need a = 12; b = a;", "need a = 13; c = 1;");
         due.is("serial(0)", x.serial(0), 5);
         x.ticks(2);
         due.is("serial(0)", x.serial(0), 12);
@@ -739,7 +716,7 @@ public final class PromisesTest {
     }
 
     private static void same() {
-        AgreedInput x = with(TWO_SITES, "a = 1;", "b = 2;");
+        AgreedInput x = due.with(TWO_SITES, "a = 1;", "b = 2;");
         due.is("nothing in the ORDER", x.same(), 1);
         x.ticks(2);
         due.is("same()", x.same(), 0);
@@ -754,7 +731,7 @@ public final class PromisesTest {
     }
 
     private static void chainAndLeast() {
-        AgreedInput x = with(TWO_SITES);
+        AgreedInput x = due.with(TWO_SITES);
         due.is("chain()", x.chain(), 0);
         due.is("least()", x.least(), 0);
         Due.submit(x, 0, "a = 1;");
@@ -769,14 +746,14 @@ public final class PromisesTest {
         x.ticks(20);
         due.is("chain() of all, EXECUTED ones, too", x.chain(), 3);
         due.is("least()", x.least(), 6);
-        AgreedInput y = with("site s; site t; key a s 1; key b t 2; epoch 1; link 0;", "a = b;", "b = a;");
+        AgreedInput y = due.with("site s; site t; key a s 1; key b t 2; epoch 1; link 0;", "a = b;", "b = a;");
         y.ticks(1);
         due.is("chain()", y.chain(), 2);
         due.is("without 'link'", y.least(), 2);
     }
 
     private static void over() {
-        AgreedInput x = with(TWO_SITES);
+        AgreedInput x = due.with(TWO_SITES);
         due.is("over()", x.over(), 0);
         Due.submit(x, 0, "c = a;");
         // two TICKS till the EPOCH ends, one to be taken, three to go
@@ -786,7 +763,7 @@ public final class PromisesTest {
         due.is("nothing went", x.now(0), 1);
         x.ticks(5);
         due.is("over()", x.over(), 0);
-        AgreedInput y = with("site s; site t; key a s 1; key b t 2; copy m 1 first; epoch 20; link 9;", "a = b;");
+        AgreedInput y = due.with("site s; site t; key a s 1; key b t 2; copy m 1 first; epoch 20; link 9;", "a = b;");
         for (int n = 1; n < 24; n++) {
             y.put(1, 0);
         }
@@ -798,7 +775,7 @@ public final class PromisesTest {
 
     /** 8 TRANS of which one goes and the others are asked anew, all sent over, and 4 more: 406 TICKS. */
     private static void longestOver() {
-        AgreedInput x = with("site s; site t; key i s 0; key j t 0; key k s 0; copy m 1 first; epoch 18; link 9;",
+        AgreedInput x = due.with("site s; site t; key i s 0; key j t 0; key k s 0; copy m 1 first; epoch 18; link 9;",
             "at k = 5; k = 1 - k; j = j;", "i = j;");
         for (int n = 1; n < 8; n++) {
             x.put(0, 0);
@@ -817,7 +794,7 @@ public final class PromisesTest {
 
     /** The ORDER has 40 ENTRIES at most: here each TRANS makes the index another one, so all are asked anew till it is full. */
     private static void fullOrder() {
-        AgreedInput x = with("site s; key i s 0; key j s 0; key k s 7; copy m 1 first; epoch 3;", "at j = at j + 1; at j = at j + 1; j = 1 - j;");
+        AgreedInput x = due.with("site s; key i s 0; key j s 0; key k s 7; copy m 1 first; epoch 3;", "at j = at j + 1; at j = at j + 1; j = 1 - j;");
         for (int n = 1; n < 24; n++) {
             x.put(0, 0);
         }
@@ -838,11 +815,11 @@ public final class PromisesTest {
         due.is("soAt(41)", x.soAt(41), NONE);
         due.is("ask()", x.ask() < 2, true);
         due.is("a place beyond", x.said(NONE), NONE);
-        says(x, "place > 38", 39);
+        due.says(x, "place > 38", 39);
     }
 
     private static void so() {
-        AgreedInput x = with(TWO_SITES, "a = 1; b = 3;", "a = 5;", "a = 1; c = 4;", "a = 300;", "a = 0 - 1;", "a = 1;");
+        AgreedInput x = due.with(TWO_SITES, "a = 1; b = 3;", "a = 5;", "a = 1; c = 4;", "a = 300;", "a = 0 - 1;", "a = 1;");
         x.ticks(2);
         due.is("a is 5", Due.so(x, 0, 5), 2);
         due.is("soAt(0)", x.soAt(0), 0);
@@ -872,7 +849,7 @@ public final class PromisesTest {
     }
 
     private static void ask() {
-        AgreedInput x = with(TWO_SITES, "b = 8;", "b = 9; c = 10;", "a = 6;", "c = 11;", "a = 5;");
+        AgreedInput x = due.with(TWO_SITES, "b = 8;", "b = 9; c = 10;", "a = 6;", "c = 11;", "a = 5;");
         x.ticks(2);
         due.is("ask()", x.ask(), NONE);
         due.is("none are so", Due.so(x, 0, 99), 0);
@@ -898,7 +875,7 @@ public final class PromisesTest {
     }
 
     private static void drawn() {
-        AgreedInput x = with(TWO_SITES);
+        AgreedInput x = due.with(TWO_SITES);
         due.is("drawn(0, 1)", x.drawn(0, 1), NONE);
         due.is("drawn(61, 1)", x.drawn(61, 1), NONE);
         due.is("drawn(-1, 1)", x.drawn(-1, 1), NONE);
@@ -911,7 +888,7 @@ public final class PromisesTest {
 
     /** One TICK drawn, with all draws told anew here. */
     private static void oneDraw(int seed) {
-        AgreedInput x = with(TWO_SITES, "a = a + 1;", "b = 3;", "c = 4;");
+        AgreedInput x = due.with(TWO_SITES, "a = a + 1;", "b = 3;", "c = 4;");
         x.ticks(2);
         x.ticks(1);
         int[] draws = new int[3];
@@ -935,7 +912,7 @@ public final class PromisesTest {
     }
 
     private static void odds() {
-        AgreedInput x = with(TWO_SITES, "a = a + 1;", "b = a;");
+        AgreedInput x = due.with(TWO_SITES, "a = a + 1;", "b = a;");
         due.is("odds(0, 1)", x.odds(0, 1), NONE);
         due.is("odds(11, 1)", x.odds(11, 1), NONE);
         due.is("odds(LOW, 1)", x.odds(LOW, 1), NONE);
@@ -952,7 +929,7 @@ public final class PromisesTest {
         due.is("now(0)", x.now(0), 0);
         due.is("now(1)", x.now(1), 2);
         // but one TICK is left, in which what is in the ORDER goes
-        AgreedInput y = with(ONE_SITE);
+        AgreedInput y = due.with(ONE_SITE);
         for (int i = 0; i < 16; i++) {
             y.ticks(60);
         }
@@ -976,7 +953,7 @@ public final class PromisesTest {
     }
 
     private static void book() {
-        AgreedInput x = with(TWO_SITES, "a = a + 1;");
+        AgreedInput x = due.with(TWO_SITES, "a = a + 1;");
         due.is("lives 2", Due.book(x, 2, "check;"), -1000);
         due.is("the tape stays", x.count(5), 6);
         due.is("lives -1", x.book(-1), -1000);
@@ -993,17 +970,17 @@ public final class PromisesTest {
         due.is("now(4)", x.now(4), 0);
         due.is("as far as it is not WRONG", Due.book(x, 1, "tick 4; put north 2; tick 5;"), 1);
         due.is("now(0)", x.now(0), 7);
-        String forty = times(40, "tick 1;");
+        String forty = Due.times(40, "tick 1;");
         due.is("40 LINES", Due.book(x, 0, forty), NONE);
         due.is("41 LINES", Due.book(x, 0, forty + "check;"), -2 - 280);
         due.is("fault()", x.fault(), 4);
-        due.is("400 bytes", Due.book(x, 0, forty + times(120, " ")), NONE);
-        due.is("401 bytes", Due.book(x, 0, forty + times(121, " ")), -402);
+        due.is("400 bytes", Due.book(x, 0, forty + Due.times(120, " ")), NONE);
+        due.is("401 bytes", Due.book(x, 0, forty + Due.times(121, " ")), -402);
         due.is("fault()", x.fault(), 1);
     }
 
     private static void told() {
-        AgreedInput x = with(TWO_SITES, "a = a + 1;");
+        AgreedInput x = due.with(TWO_SITES, "a = a + 1;");
         tells(x, "tick 2; put north 1; tick 1;", 9, 1, 2, 1);
         tells(x, "put north 1;", 9, 0, 0, 0);
         tells(x, "tick 5; put north 0; put south 1;", 0, 3, 5, 1);
@@ -1011,10 +988,10 @@ public final class PromisesTest {
         tells(x, "crash main;", 21, 0, 0, 0);
         tells(x, "tick 1; crash spare;", 21, 1, 1, 0);
         tells(x, "tick 2; crash spare;", 0, 2, 2, 1);
-        tells(x, times(16, "tick 60;") + "tick 40; tick 1;", 31, 17, 1000, 1);
-        tells(x, times(16, "tick 60;") + "tick 41; tick 1;", 31, 16, 960, 1);
-        tells(x, times(23, "put south 0;") + "put north 23; put north 0;", 1, 23, 0, 0);
-        tells(x, times(23, "put south 0;") + "tick 2; put north 0;", 1, 24, 2, 24);
+        tells(x, Due.times(16, "tick 60;") + "tick 40; tick 1;", 31, 17, 1000, 1);
+        tells(x, Due.times(16, "tick 60;") + "tick 41; tick 1;", 31, 16, 960, 1);
+        tells(x, Due.times(23, "put south 0;") + "put north 23; put north 0;", 1, 23, 0, 0);
+        tells(x, Due.times(23, "put south 0;") + "tick 2; put north 0;", 1, 24, 2, 24);
         due.is("told(-1)", x.told(-1), NONE);
         due.is("told(4)", x.told(4), NONE);
         due.is("told(HIGH)", x.told(HIGH), NONE);
@@ -1034,7 +1011,7 @@ public final class PromisesTest {
     }
 
     private static void sentence() {
-        AgreedInput x = with(TWO_SITES, "a = 1;", "b = 2; need a = 1;");
+        AgreedInput x = due.with(TWO_SITES, "a = 1;", "b = 2; need a = 1;");
         x.ticks(2);
         due.is("sentence()", Due.sentence(x, "waiting"), 1);
         due.is("the tape is empty", x.count(5), 0);
@@ -1045,44 +1022,44 @@ public final class PromisesTest {
         due.is("a FAULT", Due.sentence(x, "done) "), -1 - 4);
         due.is("it stays", x.said(0), 1);
         due.is("nothing", Due.sentence(x, ""), -1);
-        due.is("20 ONES", Due.sentence(x, "done" + times(19, " or done")), 20);
-        due.is("21", Due.sentence(x, "done" + times(18, " or done") + " and not done"), -1 - 4 - 18 * 8 - 9);
+        due.is("20 ONES", Due.sentence(x, "done" + Due.times(19, " or done")), 20);
+        due.is("21", Due.sentence(x, "done" + Due.times(18, " or done") + " and not done"), -1 - 4 - 18 * 8 - 9);
         due.is("fault()", x.fault(), 4);
         due.is("8 within one another", Due.sentence(x, "not (not (not (not done)))"), 8);
         due.is("9", Due.sentence(x, "not (not (not (not (done))))"), -1 - 20);
         due.is("fault()", x.fault(), 4);
-        due.is("200 bytes", Due.sentence(x, "done" + times(196, " ")), 1);
-        due.is("201 bytes", Due.sentence(x, "done" + times(197, "\n")), -201);
+        due.is("200 bytes", Due.sentence(x, "done" + Due.times(196, " ")), 1);
+        due.is("201 bytes", Due.sentence(x, "done" + Due.times(197, "\n")), -201);
         due.is("fault()", x.fault(), 1);
     }
 
     private static void said() {
-        AgreedInput x = with(TWO_SITES, "a = 1;", "need a = 9; b = 2;", "a = c;", "c = 3;");
+        AgreedInput x = due.with(TWO_SITES, "a = 1;", "need a = 9; b = 2;", "a = c;", "c = 3;");
         Due.submit(x, 1, "need b = 7;");
         due.is("no SENTENCE", x.said(NONE), NONE);
         due.is("no SENTENCE", x.said(0), NONE);
         x.ticks(4);
         // 0 DONE, 1 STOPPED, 2 in the next TICK, 3 waits, 4 waits for none
-        says(x, "done", 0);
-        says(x, "stopped", 1);
-        says(x, "waiting", 2, 3, 4);
-        says(x, "ready", 2, 4);
-        says(x, "going");
-        says(x, "retried");
-        says(x, "wide", 2);
-        says(x, "writes a", 0, 2);
-        says(x, "reads a", 1);
-        says(x, "from south", 4);
-        says(x, "place = 3", 3);
-        says(x, "place < 2", 0, 1);
-        says(x, "trans > 2", 3, 4);
-        says(x, "tries = 1", 0, 1, 2, 3, 4);
-        says(x, "tries > 1");
-        says(x, "not done", 1, 2, 3, 4);
-        says(x, "not not done", 0);
-        says(x, "done or wide and ready", 0, 2);
-        says(x, "(done or wide) and waiting", 2);
-        says(x, "place > 0 and (place < 2 or not (waiting)) or from south", 1, 4);
+        due.says(x, "done", 0);
+        due.says(x, "stopped", 1);
+        due.says(x, "waiting", 2, 3, 4);
+        due.says(x, "ready", 2, 4);
+        due.says(x, "going");
+        due.says(x, "retried");
+        due.says(x, "wide", 2);
+        due.says(x, "writes a", 0, 2);
+        due.says(x, "reads a", 1);
+        due.says(x, "from south", 4);
+        due.says(x, "place = 3", 3);
+        due.says(x, "place < 2", 0, 1);
+        due.says(x, "trans > 2", 3, 4);
+        due.says(x, "tries = 1", 0, 1, 2, 3, 4);
+        due.says(x, "tries > 1");
+        due.says(x, "not done", 1, 2, 3, 4);
+        due.says(x, "not not done", 0);
+        due.says(x, "done or wide and ready", 0, 2);
+        due.says(x, "(done or wide) and waiting", 2);
+        due.says(x, "place > 0 and (place < 2 or not (waiting)) or from south", 1, 4);
         due.is("said(-2)", x.said(-2), NONE);
         due.is("said(HIGH)", x.said(HIGH), NONE);
         due.is("said(LOW)", x.said(LOW), NONE);
@@ -1092,24 +1069,15 @@ public final class PromisesTest {
         Due.world(x, TWO_SITES);
         due.is("no SENTENCE", x.said(NONE), NONE);
 
-        AgreedInput y = with("site s; key i s 1; key j s 20; epoch 4;", "i = 2;", "at i = 1;");
+        AgreedInput y = due.with("site s; key i s 1; key j s 20; epoch 4;", "i = 2;", "at i = 1;");
         y.ticks(6);
-        says(y, "retried", 1);
-        says(y, "tries = 2", 1);
+        due.says(y, "retried", 1);
+        due.says(y, "tries = 2", 1);
         due.is("the other one is not in the ORDER", y.now(3), 1);
     }
 
-    private static void says(AgreedInput x, String sentence, int... places) {
-        due.is("sentence() of " + sentence, Due.sentence(x, sentence) > 0, true);
-        due.is("said(NONE): " + sentence, x.said(NONE), places.length);
-        for (int k = 0; k < places.length; k++) {
-            due.is("said(" + k + "): " + sentence, x.said(k), places[k]);
-        }
-        due.is("said() behind them: " + sentence, x.said(places.length), NONE);
-    }
-
     private static void imageAndRestore() {
-        AgreedInput x = with(TWO_SITES, "a = 1;");
+        AgreedInput x = due.with(TWO_SITES, "a = 1;");
         due.is("restore(0)", x.restore(0), false);
         due.is("restore(1)", x.restore(1), false);
         due.is("image(2)", x.image(2), false);
@@ -1160,7 +1128,7 @@ public final class PromisesTest {
     }
 
     private static void count() {
-        AgreedInput x = with(TWO_SITES);
+        AgreedInput x = due.with(TWO_SITES);
         x.feed(1, 2, 3, 4, 5);
         int[] counts = {2, 3, 2, 2, 3, 20};
         for (int what = 0; what < counts.length; what++) {

@@ -8,15 +8,6 @@ public final class WhatStaysTest {
         + "copy ca 1 first;copy cb 1 last;copy cc 4 first;epoch 2;link 3;";
     private static final String SECOND = "site u;site v;key x v 1;key y u 2;key z u 7;copy w 3 last;copy ww 1 first;epoch 3;link 1;";
 
-    private static AgreedInput with(String world, String... transes) {
-        AgreedInput x = new AgreedInput();
-        due.is("world() of " + world, Due.world(x, world) >= 0, true);
-        for (int n = 0; n < transes.length; n++) {
-            due.is("submit() of " + transes[n], Due.submit(x, 0, transes[n]), n);
-        }
-        return x;
-    }
-
     /** A CHECKPOINT, a CHECK that is on with TWINS, ENTRIES of each sort, some that arrived, FORESEEN ones, a SENTENCE. */
     private static void tellFirst(AgreedInput x) {
         Due.world(x, FIRST);
@@ -282,7 +273,7 @@ public final class WhatStaysTest {
 
     /** KEYS a, b are TAKEN, a is written in the next TICK once more, c for the first time. */
     private static AgreedInput taking() {
-        AgreedInput x = with("site s;key a s 1;key b s 2;key c s 3;copy m 1 first;epoch 1;link 0;", "a = 5;");
+        AgreedInput x = due.with("site s;key a s 1;key b s 2;key c s 3;copy m 1 first;epoch 1;link 0;", "a = 5;");
         x.ticks(2);
         x.check();
         x.ticks(1);
@@ -328,7 +319,7 @@ public final class WhatStaysTest {
 
     static void part3_copiesOfANewWorldWait() {
         String world = "site s;key a s 1;copy m 1 first;copy n 1 first;copy o 1 last;epoch 1;link 0;";
-        AgreedInput x = with(world, "a = 2;");
+        AgreedInput x = due.with(world, "a = 2;");
         x.ticks(2);
         due.is("same()", x.same(), 1);
         Due.world(x, world);
@@ -353,7 +344,7 @@ public final class WhatStaysTest {
     // ---- a TRANS that was refused
 
     private static AgreedInput refusedThen(String refused, String text) {
-        AgreedInput x = with("site s;key a s 1;key b s 2;key c s 5;epoch 1;link 0;");
+        AgreedInput x = due.with("site s;key a s 1;key b s 2;key c s 5;epoch 1;link 0;");
         due.is("submit() of " + refused, Due.submit(x, 0, refused) < 0, true);
         due.is("submit() of " + text, Due.submit(x, 0, text), 0);
         return x;
@@ -366,7 +357,7 @@ public final class WhatStaysTest {
         x.ticks(2);
         due.is(call + "how it went", x.how(0, 0), how);
         due.is(call + "value(0, 0)", x.value(0, 0), a);
-        AgreedInput y = with("site s;key a s 1;key b s 2;key c s 5;epoch 1;link 0;", text);
+        AgreedInput y = due.with("site s;key a s 1;key b s 2;key c s 5;epoch 1;link 0;", text);
         y.ticks(2);
         due.is(call + "as without it", Look.of(x), Look.of(y));
     }
@@ -388,9 +379,9 @@ public final class WhatStaysTest {
         String[] texts = {"a=1;", "b=a;", "need a=1;", "need at a>0;a=9;", "a=b-c;", "at a=3;need a=1;"};
         for (String first : undone) {
             for (String text : texts) {
-                AgreedInput x = with(world, first);
+                AgreedInput x = due.with(world, first);
                 due.is("undo()", x.undo(), 0);
-                AgreedInput y = with(world);
+                AgreedInput y = due.with(world);
                 for (AgreedInput one : new AgreedInput[] {x, y}) {
                     due.is("submit() of " + text, Due.submit(one, 0, text), 0);
                     one.ticks(3);
@@ -510,7 +501,7 @@ public final class WhatStaysTest {
             text.append("key k").append(k).append(" r 1;");
         }
         text.append("copy ca 1 first;copy cb 1 first;copy cc 1 first;");
-        AgreedInput x = with(text.toString());
+        AgreedInput x = due.with(text.toString());
         due.is("the last KEY", Due.submit(x, 2, "kj = ka;"), 0);
         due.is("a COPY is no KEY", Due.submit(x, 2, "ca = 1;"), -2);
         due.is("fault()", x.fault(), 3);
@@ -529,7 +520,7 @@ public final class WhatStaysTest {
     }
 
     static void promise03_bytesBehindTheEndAreNotRead() {
-        AgreedInput x = with("site s;key a s 1;");
+        AgreedInput x = due.with("site s;key a s 1;");
         Due.tape(x, "\0\1\u00ff\u00ff\u00ff\u00ff\u00ff\u00ff");
         x.end(2);
         due.is("so() of the first two", x.so(), 1);
